@@ -1,0 +1,440 @@
+/** Promises 11, 13 to 22 and 42 to 44: ACTS, STATUS, UNDOING, YEARS, IMAGES, counts. */
+public final class ActsTest {
+    private static final String STILL = "pulse 20;fore 1;back 0;level 20;word 1";
+
+    public static void main(String[] args) {
+        promise11Risk();
+        promise13Phase();
+        promise14Hold();
+        promise15Set();
+        promise16Drop();
+        promise17Change();
+        promise18Dice();
+        promise19Seek();
+        promise19SeekTies();
+        promise20YearsAsByHand();
+        promise20YearsRefused();
+        promise21Status();
+        promise22UndoForty();
+        promise22UndoEachAct();
+        promise22UndoLongSends();
+        promise42Image();
+        promise43BackOfTheLine();
+        promise43BackToLog();
+        promise44Count();
+        Check.finish();
+    }
+
+    private static void promise11Risk() {
+        HuntedEye x = new HuntedEye();
+        Check.due("11 it is so", x.risk(3), false);
+        Check.due("11 least", x.risk(0), true);
+        Check.due("11 least", x.count(4), 0);
+        Check.due("11 most", x.risk(9), true);
+        Check.due("11 beyond", x.risk(10), false);
+        Check.due("11 below", x.risk(-1), false);
+        Check.due("11 stays", x.count(4), 9);
+        for (int i = 0; i < 4; i++) Check.due("11 no status", x.status(i), 0);
+        Check.due("11 no act", x.count(6), 0);
+    }
+
+    private static void promise13Phase() {
+        HuntedEye x = new HuntedEye();
+        Check.due("13 no line", x.phase(9), -1);
+        Check.due("13 status", x.status(0), 1);
+        Check.retell(x, STILL);
+        Check.due("13 what it was", x.phase(3), 0);
+        Check.due("13 phase", x.now(1), 3);
+        Check.due("13 what it was", x.phase(0), 3);
+        Check.due("13 it is so", x.phase(0), -1);
+        Check.due("13 below", x.phase(-1), -1);
+        Check.due("13 beyond", x.phase(4), -1);
+        Check.due("13 status", x.status(2), 1);
+        Check.due("13 status", x.status(1), 2);
+        Check.due("13 acts", x.count(6), 2);
+        HuntedEye y = Check.line("pulse 40,30,20,10,20;word 1,1,0;level 50;gear 9;lock 3;fore 1;back 0");
+        y.send(2);
+        y.phase(1);
+        Check.due("13 votes of phase stay", y.now(18), 2);
+    }
+
+    private static void promise14Hold() {
+        HuntedEye x = new HuntedEye();
+        Check.due("14 no line", x.hold(2), -1);
+        Check.due("14 status", x.status(0), 1);
+        Check.retell(x, "pulse 30;fore 1;back 0");
+        Check.due("14 it is so", x.hold(0), -1);
+        Check.due("14 what it was", x.hold(1), 0);
+        Check.due("14 held", x.now(2), 1);
+        x.send(5);
+        Check.due("14 nothing learnt", x.now(11), 0);
+        Check.due("14 it is so", x.hold(1), -1);
+        Check.due("14 what it was", x.hold(0), 1);
+        x.send(5);
+        Check.due("14 learnt", x.now(11), 5);
+        Check.due("14 out of bounds", x.hold(2), -1);
+        Check.due("14 out of bounds", x.hold(-1), -1);
+        Check.due("14 status", x.status(1), 2);
+        Check.due("14 status", x.status(2), 2);
+    }
+
+    private static void promise15Set() {
+        HuntedEye x = new HuntedEye();
+        int hidden = HuntedEye.HIDDEN;
+        Check.due("15 no line", x.set(0, 999), hidden);
+        Check.due("15 status", x.status(0), 1);
+        Check.retell(x, "pulse 30;fore 1;back 1;gear 5;word 1");
+        x.send(3);
+        Check.due("15 votes", Check.tap(x, 0, 1), 3);
+        Check.due("15 it is so", x.set(0, 64), hidden);
+        Check.due("15 votes stay", Check.tap(x, 0, 1), 3);
+        Check.due("15 what it was", x.set(0, -255), 64);
+        Check.due("15 set", Check.tap(x, 0, 0), -255);
+        Check.due("15 its votes are 0", Check.tap(x, 0, 1), 0);
+        Check.due("15 not others'", Check.tap(x, 1, 1), -2);
+        Check.due("15 what it was", x.set(1, 255), 0);
+        Check.due("15 beyond", x.set(1, 256), hidden);
+        Check.due("15 below", x.set(1, -256), hidden);
+        Check.due("15 no such tap", x.set(2, 256), hidden);
+        Check.due("15 no such tap", x.set(-1, 0), hidden);
+        Check.due("15 status", x.status(0), 3);
+        Check.due("15 status", x.status(1), 2);
+        Check.due("15 status", x.status(2), 1);
+    }
+
+    private static void promise16Drop() {
+        HuntedEye x = new HuntedEye();
+        Check.due("16 no line", x.drop(), -1);
+        Check.retell(x, STILL);
+        x.send(7);
+        Check.due("16 T", x.drop(), 7);
+        Check.due("16 dropped", x.now(7), 1);
+        Check.due("16 it is so", x.drop(), -1);
+        Check.due("16 status", x.status(0), 1);
+        Check.due("16 status", x.status(2), 1);
+        x.send(2);
+        Check.due("16 the next one was", x.log(1, 0), HuntedEye.HIDDEN);
+        Check.due("16 only that", x.log(0, 0), 20);
+        Check.due("16 again", x.drop(), 9);
+    }
+
+    private static void promise17Change() {
+        HuntedEye x = new HuntedEye();
+        Check.due("17 no line", x.change(0, 1), -1);
+        Check.due("17 no line is first", x.change(7, 1), -1);
+        Check.due("17 status", x.status(0), 2);
+        Check.retell(x, STILL + ";noise 2;train 8");
+        Check.due("17 noise", x.change(0, 4), 2);
+        Check.due("17 noise", x.now(4), 4);
+        Check.due("17 train", x.change(1, 99), 8);
+        Check.due("17 train", x.now(5), 99);
+        Check.due("17 it is so", x.change(0, 4), -1);
+        Check.due("17 it is so", x.change(1, 99), -1);
+        Check.due("17 status", x.status(2), 2);
+        Check.due("17 beyond", x.change(0, 5), -1);
+        Check.due("17 below", x.change(0, -1), -1);
+        Check.due("17 beyond", x.change(1, 100), -1);
+        Check.due("17 below", x.change(1, -1), -1);
+        Check.due("17 no such what", x.change(2, 0), -1);
+        Check.due("17 no such what", x.change(-1, 0), -1);
+        Check.due("17 status", x.status(1), 6);
+        Check.due("17 to 0", x.change(0, 0), 4);
+        Check.due("17 to 0", x.change(1, 0), 99);
+        Check.due("17 acts", x.count(6), 4);
+    }
+
+    private static void promise18Dice() {
+        HuntedEye x = new HuntedEye();
+        Check.due("18 no line", x.dice(1), -1);
+        Check.due("18 status", x.status(0), 1);
+        Check.retell(x, STILL + ";noise 4");
+        x.send(3);
+        Check.due("18 T", x.dice(-77L), 3);
+        Check.due("18 however it was", x.dice(-77L), 3);
+        Check.due("18 acts", x.count(6), 3);
+        x.send(1);
+        long first = -77L * 6364136223846793005L + 1442695040888963407L;
+        int sample = 20 + (int) ((first >>> 33) % 9) - 4;
+        Check.due("18 the draw", x.log(0, 0), sample);
+        x.undo();
+        x.undo();
+        x.undo();
+        x.send(1);
+        HuntedEye y = Check.line(STILL + ";noise 4");
+        y.send(4);
+        Check.due("18 x is undone, too", x.log(0, 0), y.log(0, 0));
+        Check.due("18 status", x.status(0), 1);
+    }
+
+    private static void promise19Seek() {
+        HuntedEye x = new HuntedEye();
+        Check.due("19 no line", x.seek(), -1);
+        Check.due("19 status", x.status(0), 1);
+        Check.retell(x, "pulse 10,30,20,40;fore 1;back 0");
+        Check.due("19 up to the top next to it", x.seek(), 1);
+        Check.due("19 phase", x.now(1), 1);
+        Check.due("19 none is better next to it", x.seek(), -1);
+        Check.due("19 status", x.status(2), 1);
+        x.phase(2);
+        Check.due("19 the greater one", x.seek(), 3);
+        Check.retell(x, "pulse 10,20,30,40;fore 1;back 0");
+        Check.due("19 as long as one is better", x.seek(), 3);
+        Check.due("19 one act", x.count(6), 1);
+        x.undo();
+        Check.due("19 undone", x.now(1), 0);
+        Check.retell(x, "pulse 40,30,20;fore 1;back 0");
+        x.phase(3);
+        Check.due("19 downwards", x.seek(), 0);
+    }
+
+    private static void promise19SeekTies() {
+        HuntedEye x = Check.line("pulse 30,10,30;fore 1;back 0");
+        x.phase(1);
+        Check.due("19 of equal ones the lower", x.seek(), 0);
+        HuntedEye y = Check.line("pulse 30,30,30,30;fore 1;back 0");
+        Check.due("19 equal is no better", y.seek(), -1);
+        // heights go by the taps as they are: with a tap below 0 the least pulse is the highest
+        HuntedEye z = Check.line("pulse 30,20,10,5;fore 1;back 0");
+        z.set(0, -64);
+        Check.due("19 by the taps", z.seek(), 3);
+    }
+
+    private static long turn(long y) {
+        return y * 6364136223846793005L + 1442695040888963407L;
+    }
+
+    private static int draw(long y, int j) {
+        return (int) ((y >>> 33) % j);
+    }
+
+    private static void promise20YearsAsByHand() {
+        String line = "pulse 25,40,10,5,12,-6;delay 1;track 1;lock 4;noise 1";
+        for (int risk = 0; risk <= 9; risk += 3) {
+            HuntedEye x = Check.line(line);
+            HuntedEye hand = Check.line(line);
+            x.risk(risk);
+            long seed = 1234567 * (risk + 1L);
+            long y = seed;
+            for (int i = 0; i < 25; i++) {
+                y = turn(y);
+                if (draw(y, 10) < risk) {
+                    y = turn(y);
+                    int what = draw(y, 4);
+                    if (what == 0) hand.drop();
+                    if (what == 1 || what == 2) y = turn(y);
+                    if (what == 1) hand.phase(draw(y, 4));
+                    if (what == 2) hand.change(0, draw(y, 5));
+                    if (what == 3) hand.hold(1 - hand.now(2));
+                }
+                y = turn(y);
+                hand.send(draw(y, 8) + 1);
+            }
+            Check.due("20 T", x.years(25, seed), hand.now(0));
+            for (int what = 0; what < 19; what++) Check.due("20 now " + what, x.now(what), hand.now(what));
+            for (int tap = 0; tap < 4; tap++) Check.due("20 tap", Check.tap(x, tap, 0), Check.tap(hand, tap, 0));
+            for (int i = 0; i < 60; i++) Check.due("20 log", x.log(i, 1), hand.log(i, 1));
+            Check.due("20 each time is one act", x.count(6), 25);
+            Check.due("20 no status", x.status(0) + x.status(1) + x.status(2) + x.status(3), 0);
+        }
+        HuntedEye x = Check.line(line);
+        x.years(3, 5);
+        int t = x.now(0);
+        x.years(1, 77);
+        Check.due("20 the latest is undone", x.undo(), 3);
+        Check.due("20 T then", x.now(0), t);
+        Check.due("20 forty", x.years(40, 9) > t, true);
+        Check.due("20 forty acts", x.count(6), 40);
+    }
+
+    private static void promise20YearsRefused() {
+        HuntedEye x = new HuntedEye();
+        Check.due("20 no line", x.years(1, 1), -1);
+        Check.retell(x, STILL);
+        Check.due("20 too few", x.years(0, 1), -1);
+        Check.due("20 too many", x.years(41, 1), -1);
+        Check.due("20 nothing came", x.now(0), 0);
+        for (int i = 0; i < 4; i++) Check.due("20 no status", x.status(i), 0);
+        for (int i = 0; i < 166; i++) x.send(60);
+        x.send(36);
+        x.risk(0);
+        x.years(20, 3);
+        Check.due("20 up to the last", x.now(0), 9999);
+        Check.due("20 acts all the same", x.count(6), 40);
+        for (int i = 0; i < 20; i++) x.undo();
+        Check.due("20 undone", x.now(0), 9996);
+    }
+
+    private static void promise21Status() {
+        HuntedEye x = new HuntedEye();
+        x.undo();
+        x.back();
+        x.image();
+        x.perform(0);
+        x.years(0, 0);
+        x.end(5);
+        x.text(0);
+        for (int i = 0; i < 4; i++) Check.due("21 these are no acts", x.status(i), 0);
+        x.drop();
+        x.send(0);
+        Check.due("21 no line", x.status(0), 2);
+        Check.due("21 no such what", x.status(4), -1);
+        Check.due("21 no such what", x.status(-1), -1);
+        Check.retell(x, STILL);
+        x.send(1);
+        x.send(0);
+        x.undo();
+        Check.due("21 not undone", x.status(1), 1);
+        x.image();
+        x.phase(0);
+        x.back();
+        Check.due("21 not in an image", x.status(2), 1);
+    }
+
+    private static void promise22UndoForty() {
+        HuntedEye x = Check.line(STILL);
+        Check.due("22 none", x.undo(), -1);
+        for (int i = 1; i <= 45; i++) {
+            x.send(i);
+            Check.due("22 acts", x.count(6), Math.min(i, 40));
+        }
+        int t = 45 * 46 / 2;
+        for (int i = 45; i > 5; i--) {
+            Check.due("22 how many still can be", x.undo(), i - 6);
+            t -= i;
+            Check.due("22 T", x.now(0), t);
+        }
+        Check.due("22 none", x.undo(), -1);
+        Check.due("22 T stays", x.now(0), 15);
+        x.send(1);
+        Check.due("22 acts again", x.undo(), 0);
+        Check.due("22 T", x.now(0), 15);
+    }
+
+    private static String told(HuntedEye x) {
+        StringBuilder s = new StringBuilder();
+        for (int i = 0; i < 19; i++) s.append(x.now(i)).append(' ');
+        for (int i = 0; i < x.count(0); i++) s.append(x.tap(i, 0)).append('/').append(x.tap(i, 1)).append(' ');
+        for (int i = 0; i < 6; i++) s.append(x.ago(0, i)).append(' ');
+        for (int i = 0; i < 3; i++) s.append(x.ago(1, i)).append(' ').append(x.ago(2, i)).append(' ');
+        for (int i = 0; i < 60; i++) s.append(x.log(i, 0)).append(' ').append(x.log(i, 1)).append(' ').append(x.log(i, 2)).append(' ');
+        for (int i = 0; i < 8; i++) s.append(x.unrolled(i)).append(' ');
+        for (int i = 0; i < 13; i++) s.append(x.coming(20, i)).append(' ');
+        return s.append(x.count(3)).append(' ').append(x.count(5)).toString();
+    }
+
+    private static void goBesideTheHigher(HuntedEye x) {
+        for (int p = 0; p < 3; p++) {
+            int rise = x.opening(p + 1, 2) - x.opening(p, 2);
+            if (rise != 0) x.phase(rise > 0 ? p : p + 1);
+        }
+    }
+
+    private static void promise22UndoEachAct() {
+        HuntedEye x = Check.line("pulse 25,40,10,5,12,-6;delay 1;track 1;lock 4;noise 1;gear 2;floor 20");
+        x.send(30);
+        Check.script(x, "hold 1;drop;send 9");
+        for (int act = 0; act < 11; act++) {
+            x.send(3);
+            if (act == 8) goBesideTheHigher(x);
+            String before = told(x);
+            int acts = x.count(6);
+            int done = 1;
+            switch (act) {
+                case 0: x.send(60); break;
+                case 1: x.phase((x.now(1) + 1) % 4); break;
+                case 2: x.hold(1); break;
+                case 3: x.set(0, 3); break;
+                case 4: x.drop(); break;
+                case 5: x.change(0, 4); break;
+                case 6: x.change(1, 50); break;
+                case 7: x.dice(55); break;
+                case 8: x.seek(); break;
+                case 9: x.years(3, 8); done = 3; break;
+                default: done = x.perform(0);
+            }
+            Check.due("22 acts of " + act, x.count(6), acts + done);
+            for (int i = 0; i < done; i++) x.undo();
+            Check.due("22 undone " + act, told(x).equals(before), true);
+        }
+    }
+
+    private static void promise22UndoLongSends() {
+        HuntedEye x = Check.line("pulse 25,40,10,5,12,-6;noise 3");
+        for (int i = 0; i < 5; i++) x.send(60);
+        String before = told(x);
+        for (int i = 0; i < 40; i++) x.send(60);
+        for (int i = 0; i < 40; i++) x.undo();
+        Check.due("22 the log of forty acts ago", told(x).equals(before), true);
+    }
+
+    private static void promise42Image() {
+        HuntedEye x = new HuntedEye();
+        Check.due("42 no line", x.image(), -1);
+        Check.retell(x, "pulse 25,40,10,5,12,-6;delay 1;track 1;lock 4;noise 1;gear 2");
+        Check.due("43 no image", x.back(), -1);
+        x.send(40);
+        x.drop();
+        int acts = x.count(6);
+        Check.due("42 T", x.image(), 40);
+        Check.due("42 no act", x.count(6), acts);
+        String before = told(x);
+        x.send(50);
+        x.set(0, -9);
+        x.risk(8);
+        Check.due("43 T", x.back(), 40);
+        Check.due("43 it is so again", told(x).equals(before), true);
+        Check.due("43 risk is not kept", x.count(4), 8);
+        Check.due("43 nothing can be undone", x.undo(), -1);
+        x.send(1);
+        Check.due("43 again and again", x.back(), 40);
+        Check.due("43 it is so again", told(x).equals(before), true);
+        x.send(5);
+        Check.due("42 instead of the one ahead", x.image(), 45);
+        x.undo();
+        Check.due("43 also what was undone", x.back(), 45);
+    }
+
+    private static void promise43BackOfTheLine() {
+        HuntedEye x = Check.line(STILL);
+        x.send(1);
+        x.image();
+        Check.retell(x, STILL);
+        Check.due("43 an image of another line", x.back(), -1);
+        Check.due("42 of a new line", x.image(), 0);
+        x.send(9);
+        Check.script(x, "drop");
+        Check.due("43 a script leaves it", x.back(), 0);
+        Check.due("43 texts stay", x.count(1), 1);
+        Check.due("43 no log", x.count(5), 0);
+    }
+
+    private static void promise43BackToLog() {
+        HuntedEye x = Check.line("pulse 25,40,10,5,12,-6;noise 3");
+        for (int i = 0; i < 45; i++) x.send(60);
+        x.image();
+        String before = told(x);
+        for (int i = 0; i < 100; i++) x.send(60);
+        x.back();
+        Check.due("43 the log, too", told(x).equals(before), true);
+        x.send(60);
+        x.undo();
+        Check.due("43 and undone to it", told(x).equals(before), true);
+    }
+
+    private static void promise44Count() {
+        HuntedEye x = Check.line("pulse 20;fore 3;back 1");
+        x.send(9);
+        x.hold(1);
+        Check.script(x, "drop");
+        Check.script(x, "seek");
+        x.risk(5);
+        Check.type(x, "abc");
+        int[] counts = {4, 2, 3, 9, 5, 9, 2};
+        for (int i = 0; i < counts.length; i++) Check.due("44 count " + i, x.count(i), counts[i]);
+        Check.due("44 others", x.count(7), HuntedEye.HIDDEN);
+        Check.due("44 others", x.count(-1), HuntedEye.HIDDEN);
+        x.send(60);
+        Check.due("44 the log has sixty", x.count(5), 60);
+        Check.due("44 T", x.count(3), 69);
+    }
+}
