@@ -631,7 +631,7 @@ public final class HuntedEye {
 
     /** What bit k of a row stands for: 1 for 1, -1 for 0. */
     private static int bitSign(int row, int k) {
-        return (row >> k & 1) == 1 ? 1 : -1;
+        return ((row >> k) & 1) == 1 ? 1 : -1;
     }
 
     /** The TRUTH of a ROW. */
@@ -890,7 +890,7 @@ public final class HuntedEye {
         private static int bytesIn(int four) {
             int bytes = 0;
             for (int shift = 24; shift >= 0; shift -= 8) {
-                if ((four >>> shift & 255) != 0) {
+                if (((four >>> shift) & 255) != 0) {
                     bytes++;
                 }
             }
@@ -899,7 +899,7 @@ public final class HuntedEye {
 
         private void append(int four) {
             for (int shift = 24; shift >= 0; shift -= 8) {
-                int one = four >>> shift & 255;
+                int one = (four >>> shift) & 255;
                 if (one != 0 && within(length, 0, MOST_BYTES - 1)) {
                     tape[length] = one;
                     length++;
@@ -1346,8 +1346,8 @@ public final class HuntedEye {
                 return line.wordAt(t % bits);
             }
             int bit = register & 1;
-            int fresh = (register ^ register >> 1) & 1;
-            register = register >> 1 | fresh << 6;
+            int fresh = (register ^ (register >> 1)) & 1;
+            register = (register >> 1) | (fresh << 6);
             return bit;
         }
 
@@ -1696,7 +1696,7 @@ public final class HuntedEye {
         private int mask;
 
         void explore(Line line, State s) {
-            mask = (1 << line.backTaps()) - 1 & FLAGS - 1;
+            mask = ((1 << line.backTaps()) - 1) & (FLAGS - 1);
             weighParts(line, s);
             for (int row = 0; row < ROWS; row++) {
                 for (int flags = 0; flags <= mask; flags++) {
@@ -1730,19 +1730,19 @@ public final class HuntedEye {
         }
 
         private int placeBehind(Line line, int row, int flags, int bit) {
-            int newRow = (row << 1 | bit) & ROWS - 1;
+            int newRow = ((row << 1) | bit) & (ROWS - 1);
             // KEPT is the TRUTH where the DECISION was right, and else what the TRUTH is not.
-            int keptBits = (newRow >> line.delay() + 1 ^ flags) & mask;
+            int keptBits = ((newRow >> (line.delay() + 1)) ^ flags) & mask;
             int decision = foreZ[newRow] - backZ[keptBits] >= 0 ? 1 : -1;
             int wrong = decision == truthOf(line, newRow) ? 0 : 1;
-            return newRow * FLAGS + ((flags << 1 | wrong) & mask);
+            return newRow * FLAGS + (((flags << 1) | wrong) & mask);
         }
 
         /** Places behind which all is known become known; what never does has a way without end. */
         private boolean spreadBack() {
             boolean found = false;
             for (int place = 0; place < PLACES; place++) {
-                if ((place & FLAGS - 1) <= mask && follow[place] == UNKNOWN) {
+                if ((place & (FLAGS - 1)) <= mask && follow[place] == UNKNOWN) {
                     int a = next[place * 2];
                     int b = next[place * 2 + 1];
                     if (follow[a] != UNKNOWN && follow[b] != UNKNOWN) {
@@ -1756,7 +1756,7 @@ public final class HuntedEye {
         }
 
         private int startOf(int row) {
-            return (row & ROWS - 1) * FLAGS + (1 & mask);
+            return (row & (ROWS - 1)) * FLAGS + (1 & mask);
         }
 
         int followers(int row) {

@@ -36,7 +36,7 @@ public final class ModelTest {
         // some objects go on to the last T
         boolean far = random.nextInt(8) == 0;
         while (calls < CALLS && wrong == 0) {
-            if (random.nextInt(60) == 0) {
+            if (!far && random.nextInt(60) == 0) {
                 calls += tell(0, lineText());
             } else if (random.nextInt(30) == 0) {
                 calls += tell(1, scriptText());
