@@ -27,6 +27,11 @@ public final class ModelTest {
             one.live();
             wrong += one.wrong;
         }
+        for (int i = 0; i < objects && wrong < 5; i++) {
+            ModelTest one = new ModelTest(-1 - i);
+            one.allBursts();
+            wrong += one.wrong;
+        }
         System.exit(wrong == 0 ? 0 : 1);
     }
 
@@ -49,6 +54,34 @@ public final class ModelTest {
                 }
             }
         }
+    }
+
+    /** Taps that take off more or less what the pulse leaves behind: bursts that end, but not at once. */
+    private void allBursts() {
+        int fore = within(1, 3);
+        int back = within(1, 3);
+        int delay = within(0, 2);
+        StringBuilder s = new StringBuilder("fore " + fore + ";back " + back + ";delay " + delay + ";pulse 0");
+        int[] pulse = {0, 0, 0, 0};
+        for (int k = 0; k < 4; k++) pulse[k] = k == delay ? within(15, 30) : within(-14, 14);
+        for (int i = 1; i < 16; i++) s.append(',').append(i % 4 == 1 ? pulse[i / 4] : 0);
+        tell(0, s.toString());
+        same("phase", eye.phase(1), model.act("phase", 1, 0, -1));
+        for (int j = 0; j < back; j++) {
+            int left = delay + 1 + j < 4 ? pulse[delay + 1 + j] : 0;
+            int tap = left + within(-3, 3);
+            same("set", eye.set(fore + j, tap), model.act("tap", fore + j, tap, Model.HIDDEN));
+        }
+        if (fore > 1) {
+            int tap = within(-20, 20);
+            same("set", eye.set(1, tap), model.act("tap", 1, tap, Model.HIDDEN));
+        }
+        java.util.Map<String, int[]> known = new java.util.HashMap<>();
+        for (int row = 0; row < 64 && wrong == 0; row++) {
+            same("burst(" + row + ",0)", eye.burst(row, 0), model.burst(row, 0, known));
+            same("burst(" + row + ",1)", eye.burst(row, 1), model.burst(row, 1, known));
+        }
+        same("bursts()", eye.bursts(), model.bursts());
     }
 
     private int in(int low, int high) {

@@ -13,6 +13,7 @@ public final class RowsTest {
         promise31Bears();
         promise32Burst();
         promise32BurstOfTwo();
+        promise32BurstByEitherBit();
         promise33Bursts();
         promise34Unrolled();
         promise35Improved();
@@ -177,6 +178,18 @@ public final class RowsTest {
         x.send(3);
         x.change(0, 4);
         Check.due("32 no noise", x.burst(9, 0), 2);
+    }
+
+    private static void promise32BurstByEitherBit() {
+        HuntedEye x = Check.line("pulse -9,0,0,0,20,0,0,0,6;delay 1;fore 1;back 1");
+        x.set(1, 6);
+        // behind a WRONG one Z is 64 times -9 s0 + 20 s1 + 12 s2: WRONG for s0 and s1 the same, s2 not
+        int[] due = {1, 2, 2, 1};
+        for (int row = 0; row < 64; row++) {
+            Check.due("32 follow " + row, x.burst(row, 0), due[row % 4]);
+            Check.due("32 wrong " + row, x.burst(row, 1), due[row % 4]);
+        }
+        Check.due("33 the lowest of several", x.bursts(), 1);
     }
 
     private static void promise33Bursts() {

@@ -102,6 +102,7 @@ public final class TextsTest {
         line("pulsx 1", 0);
         line("pulsefore 1", 0);
         line("puls 1", 0);
+        line("xulse 1", 0);
         line("Pulse 1", 0);
         line("5", 0);
         line(";pulse 1", 0);
@@ -158,6 +159,8 @@ public final class TextsTest {
             line(start + highs[i], -1);
             line(start + (lows[i] - 1), start.length());
             line(start + (highs[i] + 1), start.length());
+            // all but word have one number
+            if (i < 11) line(start + lows[i] + "," + lows[i], start.length() + 1);
         }
         line("pulse -60", -1);
         line("pulse 60", -1);
@@ -200,6 +203,8 @@ public final class TextsTest {
         script("seek -", 5);
         script("pulse 1", 0);
         script("drops", 0);
+        script("xrop", 0);
+        script("seek;xeek", 5);
         script(STEPS_12, -1);
         script(STEPS_12 + "  ", -1);
         script(STEPS_12 + ";drop", STEPS_12.length());
