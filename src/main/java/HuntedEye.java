@@ -571,9 +571,10 @@ public final class HuntedEye {
             case DO_SEEK:
                 s.phase = watcher.hunted(line, s);
                 return s.phase;
-            default:
+            case DO_DROP:
                 s.dropped = true;
                 return s.t;
+            default: return NONE;
         }
     }
 
