@@ -1,13 +1,19 @@
 /** What the tests share: texts fed as numbers, and answers held against those that are due. */
 final class Check {
     private static int wrong;
+    private static String held = "";
 
     private Check() { }
+
+    /** What follows holds these words of the document, for this promise. SentencesTest looks whether they stand there. */
+    static void edge(int promise, String words) {
+        held = "promise " + promise + ", '" + words + "': ";
+    }
 
     static void due(String call, long got, long want) {
         if (got != want) {
             wrong++;
-            System.out.println(call + " answered " + got + ", due is " + want);
+            System.out.println(held + call + " answered " + got + ", due is " + want);
         }
     }
 
@@ -75,5 +81,34 @@ final class Check {
         } catch (java.util.NoSuchElementException e) {
             return HuntedEye.HIDDEN;
         }
+    }
+
+    /** Sends up to this T, in some calls. */
+    static void sendTo(HuntedEye x, int t) {
+        while (x.now(0) < t) {
+            x.send(Math.min(60, t - x.now(0)));
+        }
+    }
+
+    static int statusSum(HuntedEye x) {
+        return x.status(0) + x.status(1) + x.status(2) + x.status(3);
+    }
+
+    /** All that can be told of what is now, in fewer than 350 calls. */
+    static String snapshot(HuntedEye x) {
+        StringBuilder s = new StringBuilder();
+        for (int i = 0; i < 13; i++) s.append(x.rule(i)).append(' ');
+        for (int i = 0; i < 19; i++) s.append(x.now(i)).append(' ');
+        for (int i = 0; i < 6; i++) s.append(tap(x, i, 0)).append('/').append(tap(x, i, 1)).append(' ');
+        for (int i = 0; i < 6; i++) s.append(x.ago(0, i)).append(' ');
+        for (int i = 0; i < 3; i++) s.append(x.ago(1, i)).append(' ').append(x.ago(2, i)).append(' ');
+        for (int i = 0; i < 60; i++) {
+            for (int what = 0; what < 3; what++) s.append(x.log(i, what)).append(' ');
+        }
+        for (int i = 0; i < 8; i++) s.append(x.unrolled(i)).append(' ');
+        for (int i = 0; i < 13; i++) s.append(x.coming(30, i)).append(' ');
+        for (int i = 0; i < 7; i++) s.append(x.count(i)).append(' ');
+        for (int i = 0; i < 2; i++) s.append(x.fault(i)).append(' ');
+        return s.toString();
     }
 }
