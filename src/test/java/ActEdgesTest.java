@@ -256,6 +256,7 @@ public final class ActEdgesTest {
         Check.due("no ACT", x.count(6), 0);
         Check.edge(20, "Each time is one ACT. No STATUS.");
         Check.due("no STATUS", Check.statusSum(x), 0);
+        Check.edge(20, "YEARS by a seed: n (1 .. 40) times");
         for (long seed : new long[] {0, 1, -1, Long.MIN_VALUE, Long.MAX_VALUE}) {
             HuntedEye one = Check.line(STILL);
             int t = one.years(1, seed);
@@ -303,6 +304,15 @@ public final class ActEdgesTest {
             for (int what = 0; what < 19; what++) Check.due("RISK " + risk + ", now " + what, x.now(what), hand.now(what));
             for (int i = 0; i < 60; i++) Check.due("RISK " + risk + ", Z", x.log(i, 1), hand.log(i, 1));
         }
+        Check.edge(20, "These draws go by y, at first the seed");
+        for (long seed : new long[] {0, -1, Long.MIN_VALUE, Long.MAX_VALUE}) {
+            HuntedEye x = Check.line(LIVELY);
+            HuntedEye hand = Check.line(LIVELY);
+            x.years(2, seed);
+            yearByHand(hand, yearByHand(hand, seed, 3), 3);
+            for (int what = 0; what < 19; what++) Check.due("seed " + seed + ", now " + what, x.now(what), hand.now(what));
+        }
+        Check.edge(20, "a draw of 10: below RISK (0 .. 9; 3 at first)");
         HuntedEye x = Check.line(STILL);
         HuntedEye three = Check.line(STILL);
         three.risk(4);

@@ -2,15 +2,26 @@
 final class Check {
     private static int wrong;
     private static String held = "";
+    private static boolean looked = true;
 
     private Check() { }
 
     /** What follows holds these words of the document, for this promise. SentencesTest looks whether they stand there. */
     static void edge(int promise, String words) {
+        needLook();
+        looked = false;
         held = "promise " + promise + ", '" + words + "': ";
     }
 
+    private static void needLook() {
+        if (!looked) {
+            wrong++;
+            System.out.println(held + "no answer was looked at");
+        }
+    }
+
     static void due(String call, long got, long want) {
+        looked = true;
         if (got != want) {
             wrong++;
             System.out.println(held + call + " answered " + got + ", due is " + want);
@@ -22,6 +33,7 @@ final class Check {
     }
 
     static void finish() {
+        needLook();
         System.exit(wrong == 0 ? 0 : 1);
     }
 

@@ -233,20 +233,22 @@ public final class SymbolEdgesTest {
         Check.due("no draw was made without NOISE", x.log(0, 0), 16 + draw(turned(BigInteger.ZERO), 9));
     }
 
+    private static void drawsBehind(long first) {
+        HuntedEye x = Check.line("pulse 20;fore 1;back 0;word 1;noise 4");
+        x.dice(first);
+        BigInteger at = new BigInteger(Long.toUnsignedString(first));
+        for (int i = 0; i < 30; i++) {
+            x.send(1);
+            at = turned(at);
+            Check.due("draw " + i + " behind " + first, x.log(0, 0), 16 + draw(at, 9));
+        }
+    }
+
     private static void drawsGoRound() {
         Check.edge(12, "64 bits, going round");
-        long[] edges = {0, 1, -1, Long.MAX_VALUE, Long.MIN_VALUE, 1L << 32, 1L << 33, -(1L << 33), 0x7fffffffL, 0x123456789abcdefL};
-        for (long edge : edges) {
-            HuntedEye x = Check.line("pulse 20;fore 1;back 0;word 1;noise 4");
-            x.dice(edge);
-            BigInteger at = BigInteger.valueOf(edge).mod(BigInteger.ONE.shiftLeft(64));
-            for (int i = 0; i < 20; i++) {
-                x.send(1);
-                at = turned(at);
-                Check.edge(12, "that shifted right by 33, without sign");
-                Check.due("draw " + i + " behind " + edge, x.log(0, 0), 16 + draw(at, 9));
-            }
-        }
+        for (long first : new long[] {2, 3, 4, 1L << 32, 1L << 33, 1L << 62, Long.MAX_VALUE}) drawsBehind(first);
+        Check.edge(12, "that shifted right by 33, without sign) modulo j");
+        for (long first : new long[] {0, 1, -1, -(1L << 33), Long.MIN_VALUE}) drawsBehind(first);
     }
 
     private static void missing() {
@@ -541,10 +543,14 @@ public final class SymbolEdgesTest {
         off.send(1);
         Check.due("without lock no VOTES", off.now(18), 0);
         Check.due("and no move", off.now(1), 1);
-        Check.edge(12, "less the sign of the ERROR one SYMBOL ago");
+        Check.edge(12, "less the sign of the ERROR one SYMBOL ago (whether it LEARNT then or not) times KEPT (ahead of the first 0)");
         HuntedEye x = Check.line(HUNT + "9");
         x.send(1);
         Check.due("the first has none ahead of it", x.now(18), 0);
+        HuntedEye one = Check.line(HUNT + "1");
+        one.phase(1);
+        one.send(1);
+        Check.due("the first moves nothing, even by lock 1", one.now(1), 1);
         x.send(1);
         Check.due("-1 less -1", x.now(18), 0);
         int[] votes = {2, 0, 2, 0};
@@ -621,7 +627,6 @@ public final class SymbolEdgesTest {
     }
 
     private static void runs() {
-        Check.edge(9, "A RUN begins with a WRONG SYMBOL, if none is open");
         String[] judged = {"", "rrr", "w", "ww", "wr", "wrw", "wrr", "wrrw", "wrwrr", "wrrwwrwrr", "wwwrrwrr", "rrwrrr"};
         int[] ended = {0, 0, 0, 0, 0, 0, 1, 1, 1, 2, 2, 1};
         int[] longest = {0, 0, 0, 0, 0, 0, 1, 1, 3, 4, 3, 1};
@@ -631,6 +636,8 @@ public final class SymbolEdgesTest {
             HuntedEye x = Check.line("pulse 20;fore 1;back 2;word 1");
             x.hold(1);
             judge(x, judged[i]);
+            Check.edge(9, "A RUN begins with a WRONG SYMBOL, if none is open");
+            Check.due("ended or open " + judged[i], x.now(12) + (x.now(14) > 0 ? 1 : 0), ended[i] + (open[i] > 0 ? 1 : 0));
             Check.edge(9, "12 RUNS that ended, 13 the longest of these (0)");
             Check.due("ended " + judged[i], x.now(12), ended[i]);
             Check.edge(9, "its length is from its first WRONG one to its last one");

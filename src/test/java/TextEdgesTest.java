@@ -59,6 +59,10 @@ public final class TextEdgesTest {
         Check.due("T", x.count(3), 0);
         Check.due("SCRIPTS", x.count(1), 0);
         Check.due("the TAPE", x.count(2), 0);
+        Check.edge(1, "`NONE = -1`: None; refused.");
+        Check.due("NONE", HuntedEye.NONE, -1);
+        Check.edge(1, "`HIDDEN = -1000000000`: Not told; no end.");
+        Check.due("HIDDEN", HuntedEye.HIDDEN, -1000000000);
     }
 
     private static void calls512() {

@@ -1,0 +1,390 @@
+/** The boundary cases of promises 27 to 35: what ROWS give, how wrong decisions spread, what the latest SYMBOL would have been. */
+public final class RowEdgesTest {
+    private static final int HIDDEN = HuntedEye.HIDDEN;
+    private static final int NONE = HuntedEye.NONE;
+    private static final int[] FAR = {Integer.MIN_VALUE, Integer.MAX_VALUE};
+    /** Behind a WRONG one Z is 64 times (10 s1 + (6 + BACK TAP) s2); the TRUTH is s1. */
+    private static final String SPREADING = "pulse 0,0,0,0,10,0,0,0,6;fore 1;back 1;delay 1";
+
+    public static void main(String[] args) {
+        eye();
+        eyeRefused();
+        opening();
+        weigh();
+        weighTheSixth();
+        map();
+        mapOfLevels();
+        bears();
+        burst();
+        burstOfBackTaps();
+        burstWithoutEnd();
+        bursts();
+        unrolled();
+        unrolledThen();
+        improved();
+        improvedTies();
+        Check.finish();
+    }
+
+    /** A LINE with one TAP whose Z is h for SENT 1, - h for -1. */
+    private static HuntedEye high(int h) {
+        int pulse = h % 60 == 0 ? 60 : 1;
+        HuntedEye x = Check.line("pulse " + pulse + ";fore 1;back 0");
+        x.set(0, h / pulse);
+        return x;
+    }
+
+    private static void eye() {
+        Check.edge(27, "how many are right by 1 for Z of 64 v and more, else -1");
+        HuntedEye x = high(1280 / 20 * 3);
+        // Z is 192 or -192: 64 times 3 and -3
+        Check.due("64 v is HIGH", x.eye(0, 3), 64);
+        Check.due("64 v is above HIGH", x.eye(0, 4), 32);
+        Check.due("64 v is above LOW", x.eye(0, -2), 64);
+        Check.due("64 v is LOW", x.eye(0, -3), 32);
+        x.set(0, 191);
+        Check.due("64 v is above HIGH by one", x.eye(0, 3), 32);
+        Check.due("64 v is below LOW by one", x.eye(0, -3), 32);
+        x.set(0, 193);
+        Check.due("64 v is above LOW by one", x.eye(0, -3), 64);
+        x.set(0, 0);
+        Check.due("Z of 0 is 1", x.eye(0, 0), 32);
+        x.set(0, -1);
+        Check.due("none is right", x.eye(0, 0), 0);
+        Check.edge(27, "EYE of a PHASE and a v (-99 .. 99)");
+        HuntedEye far = high(60 * 106);
+        Check.due("the greatest v", far.eye(0, 99), 64);
+        Check.due("the least v", far.eye(0, -99), 64);
+        far.set(0, 105);
+        Check.due("the greatest v", far.eye(0, 99), 32);
+        Check.due("the least v", far.eye(0, -99), 32);
+    }
+
+    private static void eyeRefused() {
+        Check.edge(27, "NONE: no LINE, no such PHASE, v out of bounds.");
+        Check.due("no LINE", new HuntedEye().eye(0, 0), NONE);
+        HuntedEye x = Check.line("pulse 20,20,20,20;fore 1;back 0");
+        Check.due("PHASE 0", x.eye(0, 0), 64);
+        Check.due("PHASE 3", x.eye(3, 0), 64);
+        for (int phase : new int[] {-1, 4, Integer.MIN_VALUE, Integer.MAX_VALUE}) Check.due("no such PHASE", x.eye(phase, 0), NONE);
+        for (int v : new int[] {-100, 100, Integer.MIN_VALUE, Integer.MAX_VALUE}) Check.due("v out of bounds", x.eye(0, v), NONE);
+    }
+
+    private static void opening() {
+        Check.edge(28, "the HIGH: the least Z of ROWS with TRUTH 1, the LOW: the greatest of those with -1; HEIGHT: HIGH less LOW");
+        HuntedEye x = Check.line("pulse 20,20,20,20,7,0,0,-7;fore 1;back 0");
+        Check.due("HIGH", x.opening(0, 0), 64 * 13);
+        Check.due("LOW", x.opening(0, 1), -64 * 13);
+        Check.due("HEIGHT", x.opening(0, 2), 2 * 64 * 13);
+        Check.due("a pulse below 0 closes it as far", x.opening(3, 2), 2 * 64 * 13);
+        x.set(0, -64);
+        Check.due("a HIGH below 0", x.opening(1, 0), -64 * 20);
+        Check.due("a HEIGHT below 0", x.opening(1, 2), -2 * 64 * 20);
+        Check.edge(28, "the MIDDLE: half of HIGH and LOW together, rounded down");
+        Check.due("the MIDDLE", x.opening(0, 3), 0);
+        x.set(0, 63);
+        Check.due("the MIDDLE of odd ones", x.opening(0, 3), 0);
+        Check.edge(28, "HIDDEN: no LINE, no such PHASE, what.");
+        for (int what = 0; what < 4; what++) Check.due("no LINE", new HuntedEye().opening(0, what), HIDDEN);
+        for (int phase : new int[] {-1, 4, Integer.MIN_VALUE, Integer.MAX_VALUE}) Check.due("no such PHASE", x.opening(phase, 0), HIDDEN);
+        for (int what : new int[] {-1, 4, Integer.MIN_VALUE, Integer.MAX_VALUE}) Check.due("no such what", x.opening(0, what), HIDDEN);
+    }
+
+    private static void weigh() {
+        Check.edge(29, "HIDDEN: no LINE, no such ones.");
+        Check.due("no LINE", new HuntedEye().weigh(0, 0, 0), HIDDEN);
+        Check.due("no LINE", new HuntedEye().weigh(0, 0, 1), HIDDEN);
+        HuntedEye x = Check.line("pulse 20,20,20,20;fore 1;back 0");
+        for (int row : new int[] {-1, 64, Integer.MIN_VALUE, Integer.MAX_VALUE}) Check.due("no such ROW", x.weigh(row, 0, 0), HIDDEN);
+        for (int phase : new int[] {-1, 4, Integer.MIN_VALUE, Integer.MAX_VALUE}) Check.due("no such PHASE", x.weigh(0, phase, 1), HIDDEN);
+        for (int what : new int[] {-1, 2, Integer.MIN_VALUE, Integer.MAX_VALUE}) Check.due("no such what", x.weigh(0, 0, what), HIDDEN);
+        Check.edge(29, "Z of a ROW (0 .. 63; 0), its TRUTH (1), at a PHASE.");
+        Check.due("the least ROW", x.weigh(0, 3, 0), -1280);
+        Check.due("its TRUTH", x.weigh(0, 3, 1), -1);
+        Check.due("the greatest ROW", x.weigh(63, 3, 0), 1280);
+        Check.due("its TRUTH", x.weigh(63, 3, 1), 1);
+        Check.edge(29, "without noise and with each KEPT the TRUTH then");
+        HuntedEye y = Check.line("pulse 20;fore 1;back 1;noise 4;train 5;word 1");
+        y.set(1, 7);
+        y.send(3);
+        y.drop();
+        int tap = Check.tap(y, 0, 0);
+        int back = Check.tap(y, 1, 0);
+        Check.due("as if 1 1 were SENT", y.weigh(3, 0, 0), 20 * tap - 64 * back);
+        Check.due("as if -1 1 were SENT", y.weigh(1, 0, 0), 20 * tap + 64 * back);
+    }
+
+    private static void weighTheSixth() {
+        Check.edge(29, "there is a Z and a TRUTH (none is asked for beyond the sixth)");
+        // FORE TAP 2 by number 12 of pulse: SENT 5 SYMBOLS ago; BACK TAP 3 by delay 2: the same one
+        HuntedEye x = Check.line("pulse 0,0,0,0,0,0,0,0,0,0,0,0,5;fore 3;back 3;delay 2");
+        x.set(0, 0);
+        x.set(2, 3);
+        Check.due("the sixth is 1", x.weigh(32, 0, 0), 15);
+        Check.due("the sixth is -1", x.weigh(31, 0, 0), -15);
+        x.set(5, 1);
+        Check.due("KEPT is the sixth, too", x.weigh(32, 0, 0), 15 - 64);
+        Check.due("KEPT is the sixth, too", x.weigh(31, 0, 0), -15 + 64);
+        for (int delay = 0; delay <= 2; delay++) {
+            HuntedEye late = Check.line("pulse 20;delay " + delay);
+            for (int row = 0; row < 64; row++) Check.due("the TRUTH by delay " + delay, late.weigh(row, 0, 1), (row >> delay & 1) == 1 ? 1 : -1);
+        }
+    }
+
+    private static void map() {
+        Check.edge(30, "NONE: no LINE, no such what.");
+        for (int what = 0; what < 3; what++) Check.due("no LINE", new HuntedEye().map(what), NONE);
+        HuntedEye x = Check.line("pulse 0,30,30,0;fore 1;back 0;level 10");
+        for (int what : new int[] {-1, 3, Integer.MIN_VALUE, Integer.MAX_VALUE}) Check.due("no such what", x.map(what), NONE);
+        Check.edge(30, "the PHASE with most (of several the lowest); by how many it is that");
+        Check.due("how many", x.map(0), 42);
+        Check.due("the lower of two", x.map(1), 1);
+        Check.due("by how many", x.map(2), 21);
+        HuntedEye last = Check.line("pulse 1,2,3,4;fore 1;back 0");
+        Check.due("the last PHASE", last.map(1), 3);
+        HuntedEye none = Check.line("pulse 0;fore 1;back 0");
+        for (int what = 0; what < 3; what++) Check.due("none at all", none.map(what), 0);
+        HuntedEye all = Check.line("pulse 60,60,60,60;fore 1;back 0;level 1");
+        Check.due("all the same", all.map(1), 0);
+    }
+
+    private static void mapOfLevels() {
+        Check.edge(30, "of all PHASES and all v from - LEVEL to LEVEL: how many have an EYE of 64");
+        int[] highs = {0, 1, 63, 64, 65, 127, 128, 129, 192};
+        // v from above - high / 64 to high / 64
+        int[] open = {0, 1, 1, 2, 3, 3, 4, 5, 6};
+        for (int i = 0; i < highs.length; i++) {
+            HuntedEye x = Check.line("pulse 1;fore 1;back 0");
+            x.set(0, highs[i]);
+            if (highs[i] != 64) Check.due("HIGH " + highs[i], x.map(0), open[i]);
+        }
+        Check.due("HIGH 64", Check.line("pulse 1;fore 1;back 0").map(0), 2);
+        Check.due("the least LEVEL", Check.line("pulse 60;fore 1;back 0;level 1").map(0), 3);
+        HuntedEye most = Check.line("pulse 60;fore 1;back 0;level 99");
+        most.set(0, 255);
+        Check.due("the greatest LEVEL", most.map(0), 199);
+        Check.due("HIGH is LEVEL", Check.line("pulse 40;fore 1;back 0;level 40").map(0), 80);
+        Check.due("HIGH is above LEVEL", Check.line("pulse 41;fore 1;back 0;level 40").map(0), 81);
+        Check.due("HIGH is below LEVEL", Check.line("pulse 39;fore 1;back 0;level 40").map(0), 78);
+        HuntedEye tracked = Check.line("pulse 60;fore 1;back 0;level 5;track 1;word 1");
+        tracked.send(3);
+        Check.due("LEVEL as now", tracked.map(0), 2 * 8 + 1);
+    }
+
+    private static void bears() {
+        Check.edge(31, "BEARS. HIDDEN: no LINE, no such PHASE.");
+        Check.due("no LINE", new HuntedEye().bears(0), HIDDEN);
+        HuntedEye x = Check.line("pulse 60,1,0,-1;fore 1;back 0");
+        for (int phase : new int[] {-1, 4, Integer.MIN_VALUE, Integer.MAX_VALUE}) Check.due("no such PHASE", x.bears(phase), HIDDEN);
+        Check.edge(31, "the greatest N (0 .. 99) so that with a noise of -N .. N, whatever it is, in each SAMPLE all 64 ROWS are right by 1 for Z of 0 and more");
+        Check.due("Z of 0 would be WRONG for -1", x.bears(0), 59);
+        Check.due("0", x.bears(1), 0);
+        Check.edge(31, "NONE: not even with 0");
+        Check.due("Z is 0", x.bears(2), NONE);
+        Check.due("Z is changed about", x.bears(3), NONE);
+        HuntedEye two = Check.line("pulse 30;fore 2;back 1");
+        // Z is 64 * 30 s0 + 30 TAP s1, less as much by the BACK TAP
+        two.set(1, 32);
+        two.set(2, 15);
+        Check.due("noise in each SAMPLE: below 1920 by 96", two.bears(0), 19);
+        two.set(1, -32);
+        two.set(2, -15);
+        Check.due("by the sizes of TAPS", two.bears(0), 19);
+        two.set(0, 0);
+        Check.due("a SAMPLE that weighs nothing", two.bears(0), NONE);
+        Check.due("all TAPS 0", allZero(), NONE);
+    }
+
+    private static int allZero() {
+        HuntedEye x = Check.line("pulse 30;fore 1;back 0");
+        x.set(0, 0);
+        return x.bears(0);
+    }
+
+    private static void burst() {
+        Check.edge(32, "NONE: no LINE, no such ones. HIDDEN: without end.");
+        Check.due("no LINE", new HuntedEye().burst(0, 0), NONE);
+        HuntedEye x = Check.line(SPREADING);
+        for (int row : new int[] {-1, 64, Integer.MIN_VALUE, Integer.MAX_VALUE}) Check.due("no such ROW", x.burst(row, 0), NONE);
+        for (int what : new int[] {-1, 2, Integer.MIN_VALUE, Integer.MAX_VALUE}) Check.due("no such what", x.burst(0, what), NONE);
+        x.set(1, 4);
+        Check.edge(32, "how many followed at most; how many were WRONG at most (the first one, too)");
+        // 10 s1 + 10 s2 is 0 where they differ: WRONG for s1 -1, s2 1 alone
+        int[] due = {1, 1, 2, 1};
+        for (int row = 0; row < 64; row++) {
+            Check.due("followed " + row, x.burst(row, 0), due[row % 4]);
+            Check.due("WRONG " + row, x.burst(row, 1), due[row % 4]);
+        }
+        x.set(1, 3);
+        for (int row = 0; row < 64; row++) {
+            Check.due("followed by less " + row, x.burst(row, 0), 1);
+            Check.due("WRONG by less " + row, x.burst(row, 1), 1);
+        }
+        Check.edge(32, "BURST: TAPS as they are, none LEARNT, no noise, PHASE as now");
+        HuntedEye y = Check.line("pulse 20,0,0,0,0,20;fore 1;back 1;noise 4;lock 1;word 1");
+        Check.due("PHASE 0", y.burst(0, 0), 1);
+        y.phase(1);
+        Check.due("PHASE 1: Z is 64 * 20 s1", y.burst(1, 0), HIDDEN);
+        Check.due("PHASE stays", y.now(1), 1);
+        Check.due("T stays", y.now(0), 0);
+    }
+
+    private static void burstOfBackTaps() {
+        Check.edge(32, "Without BACK TAPS 0 followed, 1 WRONG.");
+        HuntedEye none = Check.line("pulse -20;fore 1;back 0");
+        for (int row = 0; row < 64; row++) {
+            Check.due("followed", none.burst(row, 0), 0);
+            Check.due("WRONG", none.burst(row, 1), 1);
+        }
+        Check.edge(32, "until none of the newest as many as there are BACK TAPS is WRONG");
+        for (int back = 1; back <= 3; back++) {
+            HuntedEye x = Check.line("pulse 20;fore 1;back " + back);
+            for (int row = 0; row < 64; row += 9) {
+                Check.due("followed, all right", x.burst(row, 0), back);
+                Check.due("WRONG", x.burst(row, 1), 1);
+            }
+            // the oldest BACK TAP takes off what the pulse leaves; behind a WRONG one it comes twice
+            StringBuilder pulse = new StringBuilder("pulse 20");
+            for (int i = 1; i <= 4 * back; i++) pulse.append(i == 4 * back ? ",10" : ",0");
+            x = Check.line(pulse + ";fore 1;back " + back);
+            x.set(back, 9);
+            Check.due("20 s0 + 19 s: still right", x.burst(1, 0), back);
+            x.set(back, 10);
+            // 20 s0 + 20 s: WRONG for s0 -1, s 1
+            Check.due("the oldest makes one WRONG again", x.burst(1, 0), 2 * back);
+            Check.due("two WRONG", x.burst(1, 1), 2);
+            Check.due("behind one that was -1", x.burst(0, 0), back);
+        }
+    }
+
+    private static void burstWithoutEnd() {
+        Check.edge(32, "HIDDEN: there is a way on which it never ends");
+        HuntedEye x = Check.line(SPREADING);
+        x.set(1, 5);
+        // 10 s1 + 11 s2: WRONG as long as they differ
+        int[] due = {1, HIDDEN, HIDDEN, 1};
+        for (int row = 0; row < 64; row++) {
+            Check.due("followed " + row, x.burst(row, 0), due[row % 4]);
+            Check.due("WRONG " + row, x.burst(row, 1), due[row % 4]);
+        }
+        Check.edge(32, "from a ROW whose newest DECISION is WRONG, whatever it would be, all ones ahead of it right");
+        HuntedEye all = Check.line("pulse -20;fore 1;back 1");
+        for (int row = 0; row < 64; row++) Check.due("all are WRONG", all.burst(row, 0), HIDDEN);
+    }
+
+    private static void bursts() {
+        Check.edge(33, "BURSTS: the ROW. NONE: no LINE.");
+        Check.due("no LINE", new HuntedEye().bursts(), NONE);
+        Check.edge(33, "BURSTS: the ROW from which most follow (of several the lowest; any without end is most).");
+        HuntedEye x = Check.line(SPREADING);
+        Check.due("all the same", x.bursts(), 0);
+        x.set(1, 4);
+        Check.due("the lowest of those from which two follow", x.bursts(), 2);
+        x.set(1, 5);
+        Check.due("the lowest of those without end", x.bursts(), 1);
+        x.set(1, 255);
+        Check.due("the lowest of those without end", x.bursts(), 1);
+        Check.due("without BACK TAPS", Check.line("pulse 20;back 0").bursts(), 0);
+        Check.due("all without end", Check.line("pulse -20;back 1").bursts(), 0);
+    }
+
+    private static void unrolled() {
+        Check.edge(34, "HIDDEN: no SYMBOL yet, no such row.");
+        Check.due("no LINE", new HuntedEye().unrolled(0), HIDDEN);
+        for (int back = 0; back <= 3; back++) {
+            HuntedEye x = Check.line("pulse 20;fore 1;word 1;back " + back);
+            Check.due("no SYMBOL yet", x.unrolled(0), HIDDEN);
+            for (int j = 1; j <= back; j++) x.set(j, 1 << j);
+            x.send(1);
+            Check.edge(34, "as many as BACK TAPS");
+            for (int row = 0; row < 1 << back; row++) {
+                int off = 0;
+                for (int j = 1; j <= back; j++) off += (row >> j - 1 & 1) == 1 ? 1 << j : -(1 << j);
+                Check.due("row " + row, x.unrolled(row), 1280 - 64 * off);
+            }
+            Check.edge(34, "HIDDEN: no SYMBOL yet, no such row.");
+            Check.due("no such row", x.unrolled(1 << back), HIDDEN);
+            Check.due("no such row", x.unrolled(-1), HIDDEN);
+            for (int far : FAR) Check.due("far", x.unrolled(far), HIDDEN);
+            x.undo();
+            Check.due("UNDONE: no SYMBOL yet", x.unrolled(0), HIDDEN);
+        }
+        HuntedEye y = Check.line("pulse 20;word 1");
+        y.image();
+        y.send(1);
+        y.back();
+        Check.due("BACK: no SYMBOL yet", y.unrolled(0), HIDDEN);
+    }
+
+    private static void unrolledThen() {
+        Check.edge(34, "at the latest SYMBOL (as it was then, ahead of what it LEARNT)");
+        HuntedEye x = Check.line("pulse 20,60;fore 2;back 1;word 1");
+        x.send(2);
+        // then TAP 0 was 65, TAP 1 was 0: no SAMPLE ahead of the first; the BACK TAP was 0
+        Check.due("ahead of what it LEARNT", x.unrolled(0), 65 * 20);
+        Check.due("it LEARNT", Check.tap(x, 0, 0) + Check.tap(x, 1, 0) - Check.tap(x, 2, 0), 66 + 1 + 1);
+        x.set(0, -9);
+        x.set(2, 99);
+        x.phase(1);
+        x.drop();
+        Check.due("as it was then", x.unrolled(1), 65 * 20);
+        x.send(1);
+        // the SAMPLE is MISSING, the one ahead was 20 by TAP 1
+        Check.due("a MISSING one", x.unrolled(1), 20 - 64 * 99);
+        Check.due("a MISSING one", x.unrolled(0), 20 + 64 * 99);
+    }
+
+    private static int improvedFrom(int value, int what) {
+        HuntedEye x = Check.line("pulse 20;fore 1;back 0");
+        x.set(0, value);
+        return x.improved(0, what);
+    }
+
+    private static void improved() {
+        Check.edge(35, "which value, not more than 31 from what it is (-255 .. 255), gives the greatest HEIGHT at the PHASE as now");
+        Check.due("31 more", improvedFrom(65, 0), 96);
+        Check.due("its HEIGHT", improvedFrom(65, 1), 40 * 96);
+        Check.due("to 255 itself", improvedFrom(224, 0), 255);
+        Check.due("not beyond", improvedFrom(225, 0), 255);
+        Check.due("at 255", improvedFrom(255, 0), 255);
+        Check.due("from -255", improvedFrom(-255, 0), -224);
+        HuntedEye less = Check.line("pulse -20;fore 1;back 0");
+        Check.due("31 less", less.improved(0, 0), 33);
+        less.set(0, -224);
+        Check.due("to -255 itself", less.improved(0, 0), -255);
+        less.set(0, -225);
+        Check.due("not beyond", less.improved(0, 0), -255);
+        less.set(0, -255);
+        Check.due("at -255", less.improved(0, 0), -255);
+        Check.due("its HEIGHT", less.improved(0, 1), 40 * 255);
+        Check.edge(35, "HIDDEN: no such ones.");
+        Check.due("no LINE", new HuntedEye().improved(0, 0), HIDDEN);
+        for (int tap : new int[] {-1, 1, Integer.MIN_VALUE, Integer.MAX_VALUE}) Check.due("no such TAP", less.improved(tap, 0), HIDDEN);
+        for (int what : new int[] {-1, 2, Integer.MIN_VALUE, Integer.MAX_VALUE}) Check.due("no such what", less.improved(0, what), HIDDEN);
+        Check.due("the TAP stays", Check.tap(less, 0, 0), -255);
+    }
+
+    private static void improvedTies() {
+        Check.edge(35, "gives the greatest HEIGHT at the PHASE as now (of several the least)");
+        HuntedEye x = Check.line("pulse 20,0,0,0,10;fore 1;back 1");
+        x.phase(1);
+        Check.due("all the same: the least", x.improved(0, 0), 33);
+        Check.due("HEIGHT", x.improved(0, 1), 0);
+        x.phase(0);
+        Check.due("the BACK TAP that takes 10 off", x.improved(1, 0), 10);
+        Check.due("HEIGHT", x.improved(1, 1), 2 * 1280);
+        x.set(1, 41);
+        Check.due("31 less", x.improved(1, 0), 10);
+        x.set(1, 42);
+        Check.due("no more than 31", x.improved(1, 0), 11);
+        x.set(1, -21);
+        Check.due("31 more", x.improved(1, 0), 10);
+        x.set(1, -22);
+        Check.due("no more than 31", x.improved(1, 0), 9);
+        HuntedEye flat = Check.line("pulse 0,0,0,0,0;fore 2;back 0");
+        flat.set(1, -255);
+        Check.due("all the same at the edge: the least", flat.improved(1, 0), -255);
+        flat.set(1, 255);
+        Check.due("all the same at the edge: the least", flat.improved(1, 0), 224);
+    }
+}
