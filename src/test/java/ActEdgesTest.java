@@ -455,7 +455,9 @@ public final class ActEdgesTest {
         z.back();
         for (int i = 0; i < 40; i++) z.send(59);
         for (int i = 0; i < 40; i++) z.undo();
-        for (int i = 0; i < 60; i++) Check.due("LOG " + i + " behind BACK", z.log(i, 1), y.log(i, 1));
+        for (int i = 0; i < 60; i++) {
+            for (int what = 0; what < 3; what++) Check.due("LOG " + i + " behind BACK, " + what, z.log(i, what), y.log(i, what));
+        }
     }
 
     private static int runOf(String line, String script, int what) {
@@ -534,6 +536,8 @@ public final class ActEdgesTest {
         Check.due("not HELD", x.now(2), 0);
         Check.due("ACTS", x.count(6), 1);
         Check.due("no STATUS", Check.statusSum(x), 0);
+        seekByScript();
+        Check.edge(26, "DO: its STEPS as ACTS, up to there (no STATUS)");
         int all = Check.script(x, "send 60;phase 3;hold 1;tap 0,-255;drop;noise 4;train 99");
         Check.due("all", x.perform(all), 7);
         int[] due = {62, 3, 1, 0, 4, 99, 1, 1};
@@ -542,6 +546,16 @@ public final class ActEdgesTest {
         for (int left = 7; left > 0; left--) Check.due("UNDONE one by one", x.undo(), left);
         Check.due("T", x.now(0), 2);
         Check.due("the LOG", x.count(5), 2);
+    }
+
+    private static void seekByScript() {
+        HuntedEye x = Check.line("pulse 10,20,30,40;fore 1;back 0");
+        int script = Check.script(x, "seek;send 1;seek");
+        Check.due("the second SEEKING finds none better", x.run(script, 0), 2);
+        Check.due("two", x.perform(script), 2);
+        Check.due("PHASE", x.now(1), 3);
+        Check.due("ACTS", x.count(6), 2);
+        Check.due("no STATUS", Check.statusSum(x), 0);
     }
 
     private static void performForty() {

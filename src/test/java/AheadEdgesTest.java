@@ -43,6 +43,10 @@ public final class AheadEdgesTest {
         HuntedEye both = Check.line("pulse 30;level 40;fore 1;back 1;word 1");
         both.send(1);
         Check.due("all TAPS, not the first alone", both.settled(20) >= 0 && both.settled(0) == NONE, true);
+        // SAMPLES 15, 30, 0, then it is DARK: TAP 0 is 64, 65, 64 and stays
+        HuntedEye once = Check.line("pulse 15,0,0,0,15;floor 60;level 20;fore 1;back 0;word 1,1,0");
+        Check.due("the first one behind counts, too", once.settled(0), 2);
+        Check.due("within 1", once.settled(1), 0);
         Check.edge(36, "SETTLED for b (0 .. 20)");
         HuntedEye still = Check.line("pulse 20;fore 1;back 0;level 20;word 1");
         Check.due("the least b", still.settled(0), 0);
@@ -326,6 +330,12 @@ public final class AheadEdgesTest {
         x.drop();
         Check.due("MISSING: right by all of its noise", x.odds(1), 7);
         Check.due("MISSING: right by all of its noise", x.odds(2), 42);
+        // Z is 64 times 2 and the noise, behind the first SYMBOL 64 less
+        HuntedEye back = Check.line("pulse 2;fore 1;back 1;word 1;floor 0;noise 3");
+        back.hold(1);
+        back.set(1, 1);
+        Check.due("none KEPT yet", back.odds(1), 6);
+        Check.due("the BACK TAP takes 1 off: right by -1 and more", back.odds(2), 6 * 5);
         HuntedEye late = Check.line("pulse -9;fore 1;back 0;word 1;floor 0;noise 1;delay 2");
         Check.due("no TRUTH: not WRONG", late.odds(2), 9);
         Check.due("the first TRUTH", late.odds(3), 0);

@@ -80,6 +80,12 @@ public final class RowEdgesTest {
         x.set(0, -64);
         Check.due("a HIGH below 0", x.opening(1, 0), -64 * 20);
         Check.due("a HEIGHT below 0", x.opening(1, 2), -2 * 64 * 20);
+        // all six bits count, those behind the first against it: the first and the last ROW are HIGH and LOW
+        HuntedEye six = Check.line("pulse 30,0,0,0,-1,0,0,0,-1,0,0,0,-1;fore 3;back 0");
+        six.set(1, 1);
+        six.set(2, 1);
+        Check.due("HIGH of ROW 63", six.opening(0, 0), 1920 - 34 - 35 - 66 - 2 - 1);
+        Check.due("LOW of ROW 0", six.opening(0, 1), -1920 + 34 + 35 + 66 + 2 + 1);
         Check.edge(28, "the MIDDLE: half of HIGH and LOW together, rounded down");
         Check.due("the MIDDLE", x.opening(0, 3), 0);
         x.set(0, 63);
@@ -179,6 +185,9 @@ public final class RowEdgesTest {
         Check.edge(31, "the greatest N (0 .. 99) so that with a noise of -N .. N, whatever it is, in each SAMPLE all 64 ROWS are right by 1 for Z of 0 and more");
         Check.due("Z of 0 would be WRONG for -1", x.bears(0), 59);
         Check.due("0", x.bears(1), 0);
+        x.set(0, 1);
+        Check.due("60 by a TAP of 1", x.bears(0), 59);
+        x.set(0, 64);
         Check.edge(31, "NONE: not even with 0");
         Check.due("Z is 0", x.bears(2), NONE);
         Check.due("Z is changed about", x.bears(3), NONE);
@@ -220,6 +229,19 @@ public final class RowEdgesTest {
             Check.due("followed by less " + row, x.burst(row, 0), 1);
             Check.due("WRONG by less " + row, x.burst(row, 1), 1);
         }
+        // by a TAP of 1 and a BACK TAP of 1 Z is 10 s1 + 9 s2: -1 for s1 -1, s2 1, and that is right
+        HuntedEye least = Check.line("pulse 0,0,0,0,10,0,0,0,-55;fore 1;back 1;delay 1");
+        least.set(0, 1);
+        least.set(1, 1);
+        for (int row = 0; row < 64; row++) Check.due("Z of -1 is right for -1", least.burst(row, 0), 1);
+        // Z is 64 times 10 s0 + 9 s1 + 2 s2: WRONG where s1 and s2 are not s0; behind two alike one follows, by either bit
+        HuntedEye either = Check.line("pulse 10,0,0,0,5,0,0,0,2;fore 1;back 1");
+        either.set(1, 4);
+        int[] two = {2, 1, 1, 2};
+        for (int row = 0; row < 64; row++) {
+            Check.due("followed by either bit " + row, either.burst(row, 0), two[row % 4]);
+            Check.due("WRONG by either bit " + row, either.burst(row, 1), two[row % 4]);
+        }
         Check.edge(32, "BURST: TAPS as they are, none LEARNT, no noise, PHASE as now");
         HuntedEye y = Check.line("pulse 20,0,0,0,0,20;fore 1;back 1;noise 4;lock 1;word 1");
         Check.due("PHASE 0", y.burst(0, 0), 1);
@@ -253,6 +275,8 @@ public final class RowEdgesTest {
             // 20 s0 + 20 s: WRONG for s0 -1, s 1
             Check.due("the oldest makes one WRONG again", x.burst(1, 0), 2 * back);
             Check.due("two WRONG", x.burst(1, 1), 2);
+            Check.due("all ones ahead of it are right", x.burst((1 << back) - 1, 0), 2 * back);
+            Check.due("two WRONG", x.burst(63, 1), 2);
             Check.due("behind one that was -1", x.burst(0, 0), back);
         }
     }
@@ -357,6 +381,9 @@ public final class RowEdgesTest {
         less.set(0, -255);
         Check.due("at -255", less.improved(0, 0), -255);
         Check.due("its HEIGHT", less.improved(0, 1), 40 * 255);
+        HuntedEye six = Check.line("pulse 20,0,0,0,0,0,0,0,0,0,0,0,10;fore 3;back 3");
+        Check.due("the sixth TAP", six.improved(5, 0), 10);
+        Check.due("its HEIGHT", six.improved(5, 1), 2 * 1280);
         Check.edge(35, "HIDDEN: no such ones.");
         Check.due("no LINE", new HuntedEye().improved(0, 0), HIDDEN);
         for (int tap : new int[] {-1, 1, Integer.MIN_VALUE, Integer.MAX_VALUE}) Check.due("no such TAP", less.improved(tap, 0), HIDDEN);

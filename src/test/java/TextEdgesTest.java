@@ -106,6 +106,7 @@ public final class TextEdgesTest {
         for (int i = 1; i <= 12; i++) Check.due("feed", x.feed(full, full, full, full, full), 20 * i);
         Check.due("one more than 240", x.feed(0, 0, 0, 0, 0x61), NONE);
         Check.due("bytes of 0 are none more", x.feed(0, 0, 0, 0, 0), 240);
+        Check.due("a byte of 1 is one more, too", x.feed(0, 0, 1, 0, 0), NONE);
         x.end(221);
         Check.due("241 in all", x.feed(full, full, full, full, full), NONE);
         Check.due("none of them came", x.count(2), 221);
@@ -270,6 +271,11 @@ public final class TextEdgesTest {
         line("pulsE 1", 0);
         line("pul se 1", 0);
         line("Apulse 1", 0);
+        line("xulse 1", 0);
+        line("pulsx 1", 0);
+        line("puls 1", 0);
+        script("xeek", 0);
+        script("see", 0);
         script("dropseek", 0);
         Check.edge(4, "a number is digits, as many as stand one behind another");
         line("pulse 60", NONE);
@@ -476,7 +482,7 @@ public final class TextEdgesTest {
 
     private static void anotherLine() {
         Check.edge(5, "all that was of another one is gone but SCRIPTS, RISK, STATUS");
-        String line = "pulse 9,5;noise 2;train 7;seed 3;level 11;fore 3;back 3;gear 2";
+        String line = "pulse 9,5;noise 2;train 7;seed 3;level 11;fore 3;back 3;gear 2;lock 9";
         HuntedEye x = Check.line("pulse 20,9,0,0,-7,0,0,0,5;fore 3;back 3;delay 2;track 1;lock 2;gear 5;noise 4;train 9;word 1,1,0");
         Check.script(x, "drop");
         x.risk(8);
@@ -486,6 +492,10 @@ public final class TextEdgesTest {
         x.set(4, 9);
         x.hold(1);
         x.image();
+        x.drop();
+        x.send(1);
+        x.phase(3);
+        judgedAndDark(x);
         x.drop();
         Check.retell(x, line);
         HuntedEye fresh = Check.line(line);
@@ -500,10 +510,36 @@ public final class TextEdgesTest {
         fresh.send(9);
         for (int i = 0; i < 9; i++) Check.due("x is 0 again", x.log(i, 0), fresh.log(i, 0));
         for (int i = 0; i < 6; i++) Check.due("VOTES are 0 again", Check.tap(x, i, 1), Check.tap(fresh, i, 1));
+        Check.due("VOTES of PHASE", x.now(18), fresh.now(18));
         Check.edge(5, "those of noise by x, at first 0 with each LINE");
         HuntedEye z = Check.line("pulse 20;fore 1;back 0;noise 4;word 1");
         z.send(1);
         Check.due("the first draw of nine", z.log(0, 0), 16 + Long.remainderUnsigned(1442695040888963407L >>> 33, 9));
+    }
+
+    /** RUNS that ended, one that is open with a right SYMBOL in it, a DARK line, VOTES of PHASE, and an ERROR. */
+    private static void judgedAndDark(HuntedEye x) {
+        Check.retell(x, "pulse 20,60;fore 1;back 2;level 40;gear 9;lock 9;word 1;floor 30");
+        x.send(1);
+        x.phase(1);
+        x.send(1);
+        Check.due("VOTES of PHASE", x.now(18), 2);
+        x.hold(1);
+        for (int tap : new int[] {-64, 64, 65, -65, 66}) {
+            x.set(0, tap);
+            if (tap > 64 || tap == -65) x.drop();
+            if (tap == 66) x.phase(0);
+            x.send(tap == 66 ? 3 : 1);
+        }
+        x.set(0, -1);
+        x.send(1);
+        x.set(0, 1);
+        x.send(1);
+        Check.due("DARK", x.now(3), 1);
+        Check.due("RUNS", x.now(12) > 0 && x.now(13) > 0, true);
+        Check.due("an open one", x.now(14) > 0 && x.now(15) > 0, true);
+        Check.due("QUIET", x.now(8), 4);
+        x.image();
     }
 
     private static void rule() {
