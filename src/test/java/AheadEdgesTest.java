@@ -156,6 +156,12 @@ public final class AheadEdgesTest {
         Check.due("within 4", x.quickest(4), 8);
         // by 9 then with 1, 10, 19, 28: within 3 only behind the first one, by 8 behind the second, by 7 later
         Check.due("within 3", x.quickest(3), 9);
+        // by gear 1 TAP and LEVEL are 65, 22; 66, 21; 67, 20; 68, 19 and go back and forth: within 3 behind one SYMBOL;
+        // with LEVEL at 23 for longer the TAP would climb on
+        HuntedEye level = Check.line("pulse 19;fore 1;back 0;word 1;track 1;level 23;gear 9");
+        level.send(8);
+        Check.due("VOTES of LEVEL", level.now(17), -8);
+        Check.due("LEVEL moves, too", level.quickest(3), 1);
         // HELD nothing moves, whatever the VOTES are
         x.hold(1);
         Check.due("it does not LEARN", x.quickest(0), 1);

@@ -505,12 +505,20 @@ public final class TextEdgesTest {
         Check.due("SCRIPTS stay", x.step(0, 0, 0), 4);
         Check.due("no IMAGE", x.back(), NONE);
         Check.due("no ACT", x.undo(), NONE);
+        Check.due("no Z", x.coming(0, 7), 0);
         Check.due("as a fresh one", Check.snapshot(x).equals(Check.snapshot(fresh)), true);
         x.send(9);
         fresh.send(9);
         for (int i = 0; i < 9; i++) Check.due("x is 0 again", x.log(i, 0), fresh.log(i, 0));
         for (int i = 0; i < 6; i++) Check.due("VOTES are 0 again", Check.tap(x, i, 1), Check.tap(fresh, i, 1));
         Check.due("VOTES of PHASE", x.now(18), fresh.now(18));
+        HuntedEye shorter = Check.line("pulse 1,2,3,4,5,6,7,8,9,10,11,12,13,14,15,16;word 1,1,1,1,1,1,1,1");
+        Check.retell(shorter, "pulse 40;word 0,0,0");
+        Check.due("what the longer pulse had", shorter.weigh(63, 1, 0), 0);
+        shorter.phase(1);
+        shorter.send(4);
+        Check.due("what the longer pulse had", shorter.log(0, 0), 0);
+        Check.due("what the longer word had", shorter.ago(0, 0), -1);
         Check.edge(5, "those of noise by x, at first 0 with each LINE");
         HuntedEye z = Check.line("pulse 20;fore 1;back 0;noise 4;word 1");
         z.send(1);
@@ -539,6 +547,8 @@ public final class TextEdgesTest {
         Check.due("RUNS", x.now(12) > 0 && x.now(13) > 0, true);
         Check.due("an open one", x.now(14) > 0 && x.now(15) > 0, true);
         Check.due("QUIET", x.now(8), 4);
+        Check.due("Z", x.coming(0, 7) > 0, true);
+        x.phase(2);
         x.image();
     }
 
