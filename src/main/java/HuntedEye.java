@@ -244,7 +244,7 @@ public final class HuntedEye {
             return NONE;
         }
         pastCount--;
-        state.copy(past[(pastStart + pastCount) % MOST_ACTS]);
+        state.copy(past[pastPlace(pastCount)]);
         return pastCount;
     }
 
@@ -485,11 +485,11 @@ public final class HuntedEye {
     }
 
     private boolean isTap(int tap) {
-        return within(tap, 0, tapCount() - 1);
+        return within(tap, 0, Math.min(tapCount(), MOST_TAPS) - 1);
     }
 
     private boolean isScript(int script) {
-        return within(script, 0, scriptCount - 1);
+        return within(script, 0, Math.min(scriptCount, MOST_SCRIPTS) - 1);
     }
 
     private boolean isPhase(int phase) {
@@ -580,12 +580,17 @@ public final class HuntedEye {
 
     /** What is now is kept, so that the ACT that follows can be UNDONE. */
     private void remember() {
-        past[(pastStart + pastCount) % MOST_ACTS].copy(state);
+        past[pastPlace(pastCount)].copy(state);
         if (pastCount < MOST_ACTS) {
             pastCount++;
         } else {
-            pastStart = (pastStart + 1) % MOST_ACTS;
+            pastStart = pastPlace(1);
         }
+    }
+
+    /** Where the State ahead of ACT i stands, the oldest that can be UNDONE being 0. */
+    private int pastPlace(int i) {
+        return Math.floorMod(pastStart + i, MOST_ACTS);
     }
 
     private long liveYear(long seed) {
@@ -1746,7 +1751,7 @@ public final class HuntedEye {
                 if ((place & (FLAGS - 1)) <= mask && follow[place] == UNKNOWN) {
                     int a = next[place * 2];
                     int b = next[place * 2 + 1];
-                    if (follow[a] != UNKNOWN && follow[b] != UNKNOWN) {
+                    if (isKnown(a) && isKnown(b)) {
                         follow[place] = 1 + Math.max(follow[a], follow[b]);
                         wrongs[place] = Math.max(wrongs[a] + (a & 1), wrongs[b] + (b & 1));
                         found = true;
@@ -1754,6 +1759,10 @@ public final class HuntedEye {
                 }
             }
             return found;
+        }
+
+        private boolean isKnown(int place) {
+            return within(place, 0, PLACES - 1) && follow[place] != UNKNOWN;
         }
 
         private int startOf(int row) {

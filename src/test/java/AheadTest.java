@@ -95,8 +95,8 @@ public final class AheadTest {
         x.send(7);
         HuntedEye then = Check.line("pulse 25,40,10,5,12,-6;delay 1;track 1;lock 4;noise 3;gear 2;floor 25;fore 3;back 3;seed 77");
         then.send(7);
-        for (int n = 1; n <= 60; n++) {
-            int wrong = then.send(1);
+        for (int n = 2; n <= 60; n += 2) {
+            then.send(2);
             for (int tap = 0; tap < 6; tap++) Check.due("38 tap", x.coming(n, tap), Check.tap(then, tap, 0));
             Check.due("38 wrong in these", x.coming(n, 6), then.now(10) - x.now(10));
             Check.due("38 size of Z", x.coming(n, 7), Math.abs(then.log(0, 1)));

@@ -95,10 +95,10 @@ final class Check {
         }
     }
 
-    /** Sends up to this T, in some calls. */
+    /** Sends up to this T, in as few calls as can be: an object is used for 512 at most. */
     static void sendTo(HuntedEye x, int t) {
-        while (x.now(0) < t) {
-            x.send(Math.min(60, t - x.now(0)));
+        for (int at = x.now(0); at < t; at += 60) {
+            x.send(Math.min(60, t - at));
         }
     }
 

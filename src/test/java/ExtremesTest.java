@@ -16,11 +16,11 @@ public final class ExtremesTest {
         Random random = new Random(7);
         Method[] methods = HuntedEye.class.getDeclaredMethods();
         java.util.Arrays.sort(methods, java.util.Comparator.comparing(Method::toString));
-        for (int object = 0; object < 200; object++) {
+        for (int object = 0; object < 400; object++) {
             HuntedEye x = new HuntedEye();
             if (object % 5 != 4) Check.retell(x, LINES[object % 4]);
             if (object % 3 == 0) Check.script(x, "tap 0,255;tap 1,-255;send 60;tap 2,255;send 60;seek;send 60");
-            for (int i = 0; i < 1000; i++) {
+            for (int i = 0; i < 490; i++) {
                 Method m = methods[random.nextInt(methods.length)];
                 if (java.lang.reflect.Modifier.isPublic(m.getModifiers())) call(x, m, random);
             }
@@ -60,7 +60,7 @@ public final class ExtremesTest {
     }
 
     private static void dearCalls(HuntedEye x, int script) {
-        for (int i = 0; i < 20; i++) {
+        for (int i = 0; i < 12; i++) {
             x.fault(0);
             x.fault(1);
             x.send(10);
