@@ -86,6 +86,22 @@ public final class RowEdgesTest {
         six.set(2, 1);
         Check.due("HIGH of ROW 63", six.opening(0, 0), 1920 - 34 - 35 - 66 - 2 - 1);
         Check.due("LOW of ROW 0", six.opening(0, 1), -1920 + 34 + 35 + 66 + 2 + 1);
+        HuntedEye with = Check.line("pulse 30,0,0,0,1,0,0,0,1,0,0,0,1;fore 3;back 0");
+        with.set(1, -1);
+        with.set(2, -1);
+        // SENT 1 and 2 SYMBOLS ago weigh 64 - 30 and 64 - 31, 3 to 5 ago 62, -2, -1
+        Check.due("HIGH of a low ROW", with.opening(0, 0), 1920 - 34 - 33 - 62 - 2 - 1);
+        Check.due("Z of ROW 49", with.weigh(49, 0, 0), 1920 - 34 - 33 - 62 - 2 - 1);
+        HuntedEye four = Check.line("pulse 30,0,0,0,1,0,0,0,1,0,0,0,1;fore 1;back 0");
+        Check.due("HIGH of ROW 1", four.opening(0, 0), 64 * 27);
+        Check.due("LOW of ROW 14", four.opening(0, 1), -64 * 27);
+        // all six bits count, those behind the first with it: ROW 1 alone is HIGH, ROW 62 alone LOW
+        HuntedEye one = Check.line("pulse 30,0,0,0,1,0,0,0,1,0,0,0,1;fore 3;back 0");
+        one.set(1, 1);
+        one.set(2, 1);
+        Check.due("Z of ROW 1", one.weigh(1, 0, 0), 1920 - 94 - 95 - 66 - 2 - 1);
+        Check.due("HIGH of ROW 1 alone", one.opening(0, 0), 1920 - 94 - 95 - 66 - 2 - 1);
+        Check.due("LOW of ROW 62 alone", one.opening(0, 1), -1920 + 94 + 95 + 66 + 2 + 1);
         Check.edge(28, "the MIDDLE: half of HIGH and LOW together, rounded down");
         Check.due("the MIDDLE", x.opening(0, 3), 0);
         x.set(0, 63);
@@ -152,6 +168,8 @@ public final class RowEdgesTest {
         for (int what = 0; what < 3; what++) Check.due("none at all", none.map(what), 0);
         HuntedEye all = Check.line("pulse 60,60,60,60;fore 1;back 0;level 1");
         Check.due("all the same", all.map(1), 0);
+        HuntedEye later = Check.line("pulse 10,0,0,0,30;fore 1;back 0");
+        for (int what = 0; what < 3; what++) Check.due("there is no fifth PHASE", later.map(what), 0);
     }
 
     private static void mapOfLevels() {
@@ -249,6 +267,24 @@ public final class RowEdgesTest {
         Check.due("PHASE 1: Z is 64 * 20 s1", y.burst(1, 0), HIDDEN);
         Check.due("PHASE stays", y.now(1), 1);
         Check.due("T stays", y.now(0), 0);
+        burstByAllTaps();
+    }
+
+    private static void burstByAllTaps() {
+        // Z is 64 times 20 s0 + 10 s1, less 10 times KEPT: behind a WRONG one 20 s0 + 20 s1
+        HuntedEye fore = Check.line("pulse 20;fore 2;back 1");
+        fore.set(1, 32);
+        fore.set(2, 10);
+        // Z is 64 times 20 s0 + 10 s1 + 5 s2, less 10 and 5 times KEPT
+        HuntedEye back = Check.line("pulse 20,0,0,0,10,0,0,0,5;fore 1;back 2");
+        back.set(1, 10);
+        back.set(2, 5);
+        for (int row = 0; row < 64; row++) {
+            Check.due("two FORE TAPS, followed " + row, fore.burst(row, 0), 1 + row % 2);
+            Check.due("two FORE TAPS, WRONG " + row, fore.burst(row, 1), 1 + row % 2);
+            Check.due("two BACK TAPS, followed " + row, back.burst(row, 0), 2 + row % 2);
+            Check.due("two BACK TAPS, WRONG " + row, back.burst(row, 1), 1 + row % 2);
+        }
     }
 
     private static void burstOfBackTaps() {

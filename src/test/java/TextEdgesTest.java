@@ -2,6 +2,8 @@
 public final class TextEdgesTest {
     private static final int HIDDEN = HuntedEye.HIDDEN;
     private static final int NONE = HuntedEye.NONE;
+    /** Its ERROR is 0: nothing moves. */
+    private static final String STILL = "pulse 20;fore 1;back 0;level 20;word 1";
     private static final int[] FAR = {Integer.MIN_VALUE, Integer.MAX_VALUE};
 
     public static void main(String[] args) {
@@ -404,10 +406,15 @@ public final class TextEdgesTest {
         line("pulse ;", 6);
         line("pulse ,1", 6);
         line("pulse fore 1", 6);
+        // what could be read on from there is not looked at
+        line("pulse fore 4", 6);
+        line("pulse fore 1;x", 6);
         line("pulse 1,,1", 8);
         line("pulse 1,;", 8);
         line("pulse 1,x", 8);
         script("send;send 1", 4);
+        script("send send 61", 5);
+        script("tap 1;x", 5);
         script("tap ,1", 4);
         script("tap 1,;", 6);
         Check.edge(4, "any other byte");
@@ -512,6 +519,11 @@ public final class TextEdgesTest {
         for (int i = 0; i < 9; i++) Check.due("x is 0 again", x.log(i, 0), fresh.log(i, 0));
         for (int i = 0; i < 6; i++) Check.due("VOTES are 0 again", Check.tap(x, i, 1), Check.tap(fresh, i, 1));
         Check.due("VOTES of PHASE", x.now(18), fresh.now(18));
+        HuntedEye loud = Check.line(STILL);
+        loud.send(3);
+        Check.retell(loud, STILL);
+        Check.due("how many that are not QUIET", loud.now(9), 0);
+        Check.due("LEARNT ever", loud.now(11), 0);
         HuntedEye shorter = Check.line("pulse 1,2,3,4,5,6,7,8,9,10,11,12,13,14,15,16;word 1,1,1,1,1,1,1,1");
         Check.retell(shorter, "pulse 40;word 0,0,0");
         Check.due("what the longer pulse had", shorter.weigh(63, 1, 0), 0);
