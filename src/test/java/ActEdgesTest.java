@@ -37,7 +37,7 @@ public final class ActEdgesTest {
     }
 
     private static void risk() {
-        Check.edge(11, "RISK (0 .. 9). False: out of bounds, it is so.");
+        Check.holds(11, "RISK (0 .. 9). False: out of bounds, it is so.");
         HuntedEye x = new HuntedEye();
         Check.due("3 at first: it is so", x.risk(3), false);
         Check.due("the least", x.risk(0), true);
@@ -64,7 +64,7 @@ public final class ActEdgesTest {
     }
 
     private static void phase() {
-        Check.edge(13, "NONE: no LINE (STATUS 0), out of bounds (1), it is so (2).");
+        Check.holds(13, "NONE: no LINE (STATUS 0), out of bounds (1), it is so (2).");
         HuntedEye x = new HuntedEye();
         Check.due("no LINE", x.phase(1), NONE);
         Check.due("no LINE, out of bounds", x.phase(4), NONE);
@@ -73,7 +73,7 @@ public final class ActEdgesTest {
         Check.due("it is so", x.phase(0), NONE);
         told(x, 2, 4, 1);
         Check.due("no ACT", x.count(6), 0);
-        Check.edge(13, "PHASE is set: what it was.");
+        Check.holds(13, "PHASE is set: what it was.");
         Check.due("the greatest", x.phase(3), 0);
         Check.due("PHASE", x.now(1), 3);
         Check.due("it is so", x.phase(3), NONE);
@@ -82,7 +82,7 @@ public final class ActEdgesTest {
     }
 
     private static void hold() {
-        Check.edge(14, "NONE: no LINE (STATUS 0), out of bounds (1), it is so (2).");
+        Check.holds(14, "NONE: no LINE (STATUS 0), out of bounds (1), it is so (2).");
         HuntedEye x = new HuntedEye();
         Check.due("no LINE", x.hold(1), NONE);
         Check.due("no LINE, out of bounds", x.hold(2), NONE);
@@ -90,7 +90,7 @@ public final class ActEdgesTest {
         for (int v : new int[] {-1, 2, Integer.MIN_VALUE, Integer.MAX_VALUE}) Check.due("out of bounds " + v, x.hold(v), NONE);
         Check.due("it is so", x.hold(0), NONE);
         told(x, 2, 4, 1);
-        Check.edge(14, "HELD (1) or not (0): what it was.");
+        Check.holds(14, "HELD (1) or not (0): what it was.");
         Check.due("HELD", x.hold(1), 0);
         Check.due("now", x.now(2), 1);
         Check.due("it is so", x.hold(1), NONE);
@@ -100,7 +100,7 @@ public final class ActEdgesTest {
     }
 
     private static void set() {
-        Check.edge(15, "HIDDEN: no such TAP (STATUS 0), out of bounds (1), it is so (2).");
+        Check.holds(15, "HIDDEN: no such TAP (STATUS 0), out of bounds (1), it is so (2).");
         HuntedEye x = new HuntedEye();
         Check.due("no LINE", x.set(0, 1), HIDDEN);
         Check.retell(x, "pulse 20;fore 1;back 1");
@@ -111,11 +111,11 @@ public final class ActEdgesTest {
         Check.due("it is so", x.set(1, 0), HIDDEN);
         told(x, 6, 4, 2);
         Check.due("no ACT", x.count(6), 0);
-        Check.edge(15, "A TAP is set: what it was.");
+        Check.holds(15, "A TAP is set: what it was.");
         Check.due("the least", x.set(0, -255), 64);
         Check.due("the greatest", x.set(0, 255), -255);
         Check.due("the last TAP", x.set(1, -255), 0);
-        Check.edge(15, "a TAP (its VOTES become 0)");
+        Check.holds(15, "a TAP (its VOTES become 0)");
         HuntedEye y = Check.line("pulse 30;fore 2;back 1;gear 9;word 1");
         y.send(4);
         Check.due("VOTES", Check.tap(y, 0, 1), 4);
@@ -130,14 +130,14 @@ public final class ActEdgesTest {
     }
 
     private static void drop() {
-        Check.edge(16, "NONE: no LINE (STATUS 0), it is so (2).");
+        Check.holds(16, "NONE: no LINE (STATUS 0), it is so (2).");
         HuntedEye x = new HuntedEye();
         Check.due("no LINE", x.drop(), NONE);
         Check.retell(x, STILL);
         Check.due("T", x.drop(), 0);
         Check.due("it is so", x.drop(), NONE);
         told(x, 1, 0, 1);
-        Check.edge(16, "The next SAMPLE is DROPPED: T.");
+        Check.holds(16, "The next SAMPLE is DROPPED: T.");
         x.send(3);
         Check.due("the next one", x.log(2, 0), HIDDEN);
         Check.due("no other", x.log(1, 0), 20);
@@ -148,7 +148,7 @@ public final class ActEdgesTest {
     }
 
     private static void change() {
-        Check.edge(17, "NONE: no LINE (STATUS 0), out of bounds (1), it is so (2).");
+        Check.holds(17, "NONE: no LINE (STATUS 0), out of bounds (1), it is so (2).");
         HuntedEye x = new HuntedEye();
         Check.due("no LINE", x.change(0, 1), NONE);
         Check.due("no LINE", x.change(1, 1), NONE);
@@ -162,7 +162,7 @@ public final class ActEdgesTest {
         Check.due("it is so", x.change(1, 2), NONE);
         told(x, 4, 12, 2);
         Check.due("no ACT", x.count(6), 0);
-        Check.edge(17, "NOISE (0 .. 4; what 0), TRAIN (0 .. 99; 1) is set: what it was.");
+        Check.holds(17, "NOISE (0 .. 4; what 0), TRAIN (0 .. 99; 1) is set: what it was.");
         Check.due("the most NOISE", x.change(0, 4), 1);
         Check.due("NOISE", x.now(4), 4);
         Check.due("the least NOISE", x.change(0, 0), 4);
@@ -173,7 +173,7 @@ public final class ActEdgesTest {
     }
 
     private static void dice() {
-        Check.edge(18, "NONE: no LINE (STATUS 0). (An ACT, however it was.)");
+        Check.holds(18, "NONE: no LINE (STATUS 0). (An ACT, however it was.)");
         HuntedEye x = new HuntedEye();
         Check.due("no LINE", x.dice(0), NONE);
         told(x, 1, 0, 0);
@@ -185,7 +185,7 @@ public final class ActEdgesTest {
         Check.due("the same again", x.dice(Long.MIN_VALUE), 2);
         Check.due("ACTS", x.count(6), 4);
         told(x, 1, 0, 0);
-        Check.edge(18, "DICE sets it; it is UNDONE, too");
+        Check.holds(18, "DICE sets it; it is UNDONE, too");
         HuntedEye y = Check.line(STILL + ";noise 4");
         y.send(20);
         int[] samples = new int[20];
@@ -209,7 +209,7 @@ public final class ActEdgesTest {
     }
 
     private static void seek() {
-        Check.edge(19, "NONE: no LINE (STATUS 0), none next to it is better (2).");
+        Check.holds(19, "NONE: no LINE (STATUS 0), none next to it is better (2).");
         HuntedEye x = new HuntedEye();
         Check.due("no LINE", x.seek(), NONE);
         told(x, 1, 0, 0);
@@ -218,7 +218,7 @@ public final class ActEdgesTest {
         told(x, 1, 0, 1);
         Check.due("no ACT", x.count(6), 0);
         Check.due("the PHASE stays", x.now(1), 0);
-        Check.edge(19, "as long as a PHASE next to it (one less, one more) has a greater HEIGHT");
+        Check.holds(19, "as long as a PHASE next to it (one less, one more) has a greater HEIGHT");
         Check.due("from the lowest to the highest", soughtFrom("10,20,30,40", 0), 3);
         Check.due("from the highest to the lowest", soughtFrom("40,30,20,10", 3), 0);
         Check.due("not across a lower one", soughtFrom("20,30,10,40", 0), 1);
@@ -230,14 +230,14 @@ public final class ActEdgesTest {
     }
 
     private static void seekTies() {
-        Check.edge(19, "PHASE is that of these whose HEIGHT is greatest (of equal ones the lower)");
+        Check.holds(19, "PHASE is that of these whose HEIGHT is greatest (of equal ones the lower)");
         Check.due("equal on both sides", soughtFrom("30,10,30", 1), 0);
         Check.due("equal on both sides", soughtFrom("0,30,10,30", 2), 1);
         Check.due("greater above", soughtFrom("30,10,31", 1), 2);
         Check.due("greater below", soughtFrom("31,10,30", 1), 0);
         // the greater one next to it is taken, though the way by the other leads higher
         Check.due("step by step", soughtFrom("30,10,20,40", 1), 0);
-        Check.edge(19, "A SEEKING: the PHASE then.");
+        Check.holds(19, "A SEEKING: the PHASE then.");
         HuntedEye x = Check.line("pulse 10,20,30,40;fore 1;back 0");
         Check.due("PHASE", x.seek(), 3);
         Check.due("PHASE", x.now(1), 3);
@@ -247,16 +247,16 @@ public final class ActEdgesTest {
     }
 
     private static void years() {
-        Check.edge(20, "NONE: no LINE, n out of bounds.");
+        Check.holds(20, "NONE: no LINE, n out of bounds.");
         HuntedEye x = new HuntedEye();
         Check.due("no LINE", x.years(1, 1), NONE);
         Check.retell(x, STILL);
         for (int n : new int[] {0, -1, 41, Integer.MIN_VALUE, Integer.MAX_VALUE}) Check.due("n " + n, x.years(n, 1), NONE);
         Check.due("nothing came", x.now(0), 0);
         Check.due("no ACT", x.count(6), 0);
-        Check.edge(20, "Each time is one ACT. No STATUS.");
+        Check.holds(20, "Each time is one ACT. No STATUS.");
         Check.due("no STATUS", Check.statusSum(x), 0);
-        Check.edge(20, "YEARS by a seed: n (1 .. 40) times");
+        Check.holds(20, "YEARS by a seed: n (1 .. 40) times");
         for (long seed : new long[] {0, 1, -1, Long.MIN_VALUE, Long.MAX_VALUE}) {
             HuntedEye one = Check.line(STILL);
             int t = one.years(1, seed);
@@ -292,7 +292,7 @@ public final class ActEdgesTest {
     }
 
     private static void yearsByRisk() {
-        Check.edge(20, "a draw of 10: below RISK (0 .. 9; 3 at first)");
+        Check.holds(20, "a draw of 10: below RISK (0 .. 9; 3 at first)");
         for (int risk = 0; risk <= 9; risk++) {
             HuntedEye x = Check.line(LIVELY);
             HuntedEye hand = Check.line(LIVELY);
@@ -304,7 +304,7 @@ public final class ActEdgesTest {
             for (int what = 0; what < 19; what++) Check.due("RISK " + risk + ", now " + what, x.now(what), hand.now(what));
             for (int i = 0; i < 60; i++) Check.due("RISK " + risk + ", Z", x.log(i, 1), hand.log(i, 1));
         }
-        Check.edge(20, "These draws go by y, at first the seed");
+        Check.holds(20, "These draws go by y, at first the seed");
         for (long seed : new long[] {0, -1, Long.MIN_VALUE, Long.MAX_VALUE}) {
             HuntedEye x = Check.line(LIVELY);
             HuntedEye hand = Check.line(LIVELY);
@@ -312,7 +312,7 @@ public final class ActEdgesTest {
             yearByHand(hand, yearByHand(hand, seed, 3), 3);
             for (int what = 0; what < 19; what++) Check.due("seed " + seed + ", now " + what, x.now(what), hand.now(what));
         }
-        Check.edge(20, "a draw of 10: below RISK (0 .. 9; 3 at first)");
+        Check.holds(20, "a draw of 10: below RISK (0 .. 9; 3 at first)");
         HuntedEye x = Check.line(STILL);
         HuntedEye three = Check.line(STILL);
         three.risk(4);
@@ -323,7 +323,7 @@ public final class ActEdgesTest {
     }
 
     private static void yearsAtTheLast() {
-        Check.edge(20, "then a draw of 8 and 1 more SYMBOLS are SENT (up to 9,999)");
+        Check.holds(20, "then a draw of 8 and 1 more SYMBOLS are SENT (up to 9,999)");
         HuntedEye x = Check.line(STILL);
         Check.sendTo(x, 9998);
         x.risk(9);
@@ -336,11 +336,11 @@ public final class ActEdgesTest {
     }
 
     private static void status() {
-        Check.edge(21, "NONE: no such what.");
+        Check.holds(21, "NONE: no such what.");
         HuntedEye x = new HuntedEye();
         for (int what = 0; what < 4; what++) Check.due("0 at first", x.status(what), 0);
         for (int what : new int[] {-1, 4, Integer.MIN_VALUE, Integer.MAX_VALUE}) Check.due("no such what", x.status(what), NONE);
-        Check.edge(21, "not UNDONE");
+        Check.holds(21, "not UNDONE");
         Check.retell(x, STILL);
         x.hold(1);
         x.hold(1);
@@ -351,13 +351,13 @@ public final class ActEdgesTest {
         x.hold(0);
         x.back();
         told(x, 0, 1, 2);
-        Check.edge(21, "An IMAGE keeps all but TEXTS, RISK, STATUS");
+        Check.holds(21, "An IMAGE keeps all but TEXTS, RISK, STATUS");
         Check.retell(x, STILL);
         told(x, 0, 1, 2);
     }
 
     private static void statusOfSeveral() {
-        Check.edge(21, "how many ACTS were refused as there was no such one, no LINE (0), out of bounds (1), it is so (2), beyond the last T (3)");
+        Check.holds(21, "how many ACTS were refused as there was no such one, no LINE (0), out of bounds (1), it is so (2), beyond the last T (3)");
         HuntedEye x = new HuntedEye();
         x.send(1);
         x.phase(1);
@@ -368,7 +368,7 @@ public final class ActEdgesTest {
         x.dice(1);
         x.seek();
         told(x, 8, 0, 0);
-        Check.edge(21, "of several the first");
+        Check.holds(21, "of several the first");
         HuntedEye y = Check.line(STILL);
         Check.sendTo(y, 9999);
         y.send(0);
@@ -395,14 +395,14 @@ public final class ActEdgesTest {
     }
 
     private static void undoForty() {
-        Check.edge(22, "The latest ACT is UNDONE: how many still can be. NONE: none.");
+        Check.holds(22, "The latest ACT is UNDONE: how many still can be. NONE: none.");
         Check.due("no LINE", new HuntedEye().undo(), NONE);
         HuntedEye x = Check.line(STILL);
         Check.due("none", x.undo(), NONE);
         x.hold(1);
         Check.due("one", x.undo(), 0);
         Check.due("none", x.undo(), NONE);
-        Check.edge(22, "the latest 40 can be UNDONE one by one");
+        Check.holds(22, "the latest 40 can be UNDONE one by one");
         for (int acts : new int[] {39, 40, 41, 80, 81, 95}) {
             HuntedEye y = Check.line(STILL);
             for (int i = 1; i <= acts; i++) y.set(0, i <= 63 ? i : i + 1);
@@ -420,7 +420,7 @@ public final class ActEdgesTest {
     }
 
     private static void undoTogether() {
-        Check.edge(22, "SYMBOLS SENT together are one ACT; the LOG, too");
+        Check.holds(22, "SYMBOLS SENT together are one ACT; the LOG, too");
         HuntedEye x = Check.line(LIVELY);
         x.send(60);
         Check.due("one ACT", x.count(6), 1);
@@ -435,7 +435,7 @@ public final class ActEdgesTest {
     }
 
     private static void undoLog() {
-        Check.edge(22, "the LOG, too");
+        Check.holds(22, "the LOG, too");
         // the LOG of 60 is there again even behind 40 ACTS of 60 SYMBOLS each
         HuntedEye x = Check.line(LIVELY);
         HuntedEye y = Check.line(LIVELY);
@@ -466,7 +466,7 @@ public final class ActEdgesTest {
     }
 
     private static void run() {
-        Check.edge(25, "RUN: behind how many (0; NONE: all can be), WRONG (1). HIDDEN: no such ones, no LINE.");
+        Check.holds(25, "RUN: behind how many (0; NONE: all can be), WRONG (1). HIDDEN: no such ones, no LINE.");
         HuntedEye x = new HuntedEye();
         Check.script(x, "drop");
         Check.due("no LINE", x.run(0, 0), HIDDEN);
@@ -476,7 +476,7 @@ public final class ActEdgesTest {
         for (int i : new int[] {-1, 1, 4, Integer.MIN_VALUE, Integer.MAX_VALUE}) Check.due("no such SCRIPT " + i, x.run(i, 0), HIDDEN);
         for (int i : new int[] {-1, 2, Integer.MIN_VALUE, Integer.MAX_VALUE}) Check.due("no such what " + i, x.run(0, i), HIDDEN);
         Check.due("nothing is DROPPED", x.now(7), 0);
-        Check.edge(25, "behind how many STEPS the first is that can't be; how many were WRONG in it");
+        Check.holds(25, "behind how many STEPS the first is that can't be; how many were WRONG in it");
         String line = "pulse -20,10;fore 1;back 0;level 20;word 1;noise 2;train 5";
         String[] cannot = {"phase 0", "hold 0", "tap 0,64", "tap 1,3", "noise 2", "train 5", "drop;drop"};
         int[] behind = {0, 0, 0, 0, 0, 0, 1};
@@ -503,7 +503,7 @@ public final class ActEdgesTest {
     }
 
     private static void runAtTheLast() {
-        Check.edge(25, "SYMBOLS go on behind 9,999, but not in RUN");
+        Check.holds(25, "SYMBOLS go on behind 9,999, but not in RUN");
         HuntedEye x = Check.line(STILL);
         Check.sendTo(x, 9990);
         Check.due("up to the last", x.run(Check.script(x, "send 9"), 0), NONE);
@@ -511,7 +511,7 @@ public final class ActEdgesTest {
         Check.due("one too many behind others", x.run(Check.script(x, "send 5;send 4;drop;send 1"), 0), 3);
         Check.due("T stays", x.now(0), 9990);
         Check.due("no STATUS", Check.statusSum(x), 0);
-        Check.edge(26, "DO: its STEPS as ACTS, up to there (no STATUS)");
+        Check.holds(26, "DO: its STEPS as ACTS, up to there (no STATUS)");
         Check.due("none", x.perform(1), 0);
         Check.due("three", x.perform(2), 3);
         Check.due("T", x.now(0), 9999);
@@ -519,14 +519,14 @@ public final class ActEdgesTest {
     }
 
     private static void perform() {
-        Check.edge(26, "NONE: no such SCRIPT, no LINE.");
+        Check.holds(26, "NONE: no such SCRIPT, no LINE.");
         HuntedEye x = new HuntedEye();
         Check.script(x, "send 2;hold 0;send 3");
         Check.due("no LINE", x.perform(0), NONE);
         Check.retell(x, STILL);
         for (int i : new int[] {-1, 1, 4, Integer.MIN_VALUE, Integer.MAX_VALUE}) Check.due("no such SCRIPT " + i, x.perform(i), NONE);
         Check.due("no STATUS", Check.statusSum(x), 0);
-        Check.edge(26, "DO: how many STEPS were done.");
+        Check.holds(26, "DO: how many STEPS were done.");
         Check.due("one", x.perform(0), 1);
         Check.due("T", x.now(0), 2);
         Check.due("ACTS", x.count(6), 1);
@@ -537,7 +537,7 @@ public final class ActEdgesTest {
         Check.due("ACTS", x.count(6), 1);
         Check.due("no STATUS", Check.statusSum(x), 0);
         seekByScript();
-        Check.edge(26, "DO: its STEPS as ACTS, up to there (no STATUS)");
+        Check.holds(26, "DO: its STEPS as ACTS, up to there (no STATUS)");
         int all = Check.script(x, "send 60;phase 3;hold 1;tap 0,-255;drop;noise 4;train 99");
         Check.due("all", x.perform(all), 7);
         int[] due = {62, 3, 1, 0, 4, 99, 1, 1};
@@ -559,7 +559,7 @@ public final class ActEdgesTest {
     }
 
     private static void performForty() {
-        Check.edge(26, "All these are ACTS: the latest 40 can be UNDONE one by one");
+        Check.holds(26, "All these are ACTS: the latest 40 can be UNDONE one by one");
         HuntedEye x = Check.line(STILL);
         int script = Check.script(x, "hold 1;send 1;hold 0;send 1;hold 1;send 1;hold 0;send 1;hold 1;send 1;hold 0;send 1");
         for (int i = 1; i <= 4; i++) {
@@ -572,7 +572,7 @@ public final class ActEdgesTest {
     }
 
     private static void image() {
-        Check.edge(42, "An IMAGE (instead of the one ahead): T. NONE: no LINE.");
+        Check.holds(42, "An IMAGE (instead of the one ahead): T. NONE: no LINE.");
         HuntedEye x = new HuntedEye();
         Check.due("no LINE", x.image(), NONE);
         Check.due("no STATUS", Check.statusSum(x), 0);
@@ -590,7 +590,7 @@ public final class ActEdgesTest {
     }
 
     private static void back() {
-        Check.edge(43, "NONE: no IMAGE of this LINE.");
+        Check.holds(43, "NONE: no IMAGE of this LINE.");
         HuntedEye x = new HuntedEye();
         Check.due("no LINE", x.back(), NONE);
         Check.retell(x, LIVELY);
@@ -603,7 +603,7 @@ public final class ActEdgesTest {
         Check.retell(x, LIVELY);
         Check.due("an IMAGE of another LINE", x.back(), NONE);
         Check.due("no STATUS", Check.statusSum(x), 0);
-        Check.edge(43, "BACK: it is so again (no ACT can be UNDONE then)");
+        Check.holds(43, "BACK: it is so again (no ACT can be UNDONE then)");
         HuntedEye y = Check.line(LIVELY);
         HuntedEye twin = Check.line(LIVELY);
         for (HuntedEye one : new HuntedEye[] {y, twin}) {
@@ -634,7 +634,7 @@ public final class ActEdgesTest {
         again.drop();
         again.image();
         again.back();
-        Check.edge(43, "An IMAGE keeps all but TEXTS, RISK, STATUS (the LOG and x, too)");
+        Check.holds(43, "An IMAGE keeps all but TEXTS, RISK, STATUS (the LOG and x, too)");
         Check.due("all is so again", Check.snapshot(y).equals(Check.snapshot(again)), true);
         y.send(1);
         again.send(1);
@@ -646,7 +646,7 @@ public final class ActEdgesTest {
     }
 
     private static void backLeavesTexts() {
-        Check.edge(43, "keeps all but TEXTS, RISK, STATUS");
+        Check.holds(43, "keeps all but TEXTS, RISK, STATUS");
         HuntedEye x = Check.line(STILL);
         x.image();
         Check.script(x, "drop");
@@ -661,12 +661,12 @@ public final class ActEdgesTest {
     }
 
     private static void count() {
-        Check.edge(44, "HIDDEN for others.");
+        Check.holds(44, "HIDDEN for others.");
         HuntedEye x = new HuntedEye();
         int[] first = {0, 0, 0, 0, 3, 0, 0};
         for (int what = 0; what < 7; what++) Check.due("at first " + what, x.count(what), first[what]);
         for (int what : new int[] {-1, 7, Integer.MIN_VALUE, Integer.MAX_VALUE}) Check.due("others", x.count(what), HIDDEN);
-        Check.edge(44, "0 TAPS, 1 SCRIPTS, 2 bytes of the TAPE, 3 T, 4 RISK, 5 how long the LOG is, 6 ACTS that can be UNDONE");
+        Check.holds(44, "0 TAPS, 1 SCRIPTS, 2 bytes of the TAPE, 3 T, 4 RISK, 5 how long the LOG is, 6 ACTS that can be UNDONE");
         Check.retell(x, "pulse 20;fore 3;back 3");
         for (int i = 0; i < 5; i++) Check.script(x, "drop");
         Check.due("a full TAPE", fill(x), 240);
@@ -700,7 +700,7 @@ public final class ActEdgesTest {
     }
 
     private static void refusedChangesNothing() {
-        Check.edge(22, "What is refused answers as told and changes nothing but STATUS.");
+        Check.holds(22, "What is refused answers as told and changes nothing but STATUS.");
         HuntedEye x = lively();
         HuntedEye twin = lively();
         int full = 0x61616161;

@@ -13,8 +13,10 @@ public final class ActsTest {
         promise19Seek();
         promise19SeekTies();
         promise20YearsAsByHand();
+        promise20YearsAnswer();
         promise20YearsRefused();
         promise21Status();
+        promise22ByHand();
         promise22UndoForty();
         promise22UndoEachAct();
         promise22UndoLongSends();
@@ -26,6 +28,7 @@ public final class ActsTest {
     }
 
     private static void promise11Risk() {
+        Check.holds(11, "RISK (0 .. 9). False: out of bounds, it is so.");
         HuntedEye x = new HuntedEye();
         Check.due("11 it is so", x.risk(3), false);
         Check.due("11 least", x.risk(0), true);
@@ -39,6 +42,7 @@ public final class ActsTest {
     }
 
     private static void promise13Phase() {
+        Check.holds(13, "PHASE is set: what it was. NONE: no LINE (STATUS 0), out of bounds (1), it is so (2).");
         HuntedEye x = new HuntedEye();
         Check.due("13 no line", x.phase(9), -1);
         Check.due("13 status", x.status(0), 1);
@@ -59,6 +63,7 @@ public final class ActsTest {
     }
 
     private static void promise14Hold() {
+        Check.holds(14, "HELD (1) or not (0): what it was. NONE: no LINE (STATUS 0), out of bounds (1), it is so (2).");
         HuntedEye x = new HuntedEye();
         Check.due("14 no line", x.hold(2), -1);
         Check.due("14 status", x.status(0), 1);
@@ -79,6 +84,7 @@ public final class ActsTest {
     }
 
     private static void promise15Set() {
+        Check.holds(15, "A TAP is set: what it was. HIDDEN: no such TAP (STATUS 0), out of bounds (1), it is so (2).");
         HuntedEye x = new HuntedEye();
         int hidden = HuntedEye.HIDDEN;
         Check.due("15 no line", x.set(0, 999), hidden);
@@ -103,6 +109,7 @@ public final class ActsTest {
     }
 
     private static void promise16Drop() {
+        Check.holds(16, "The next SAMPLE is DROPPED: T. NONE: no LINE (STATUS 0), it is so (2).");
         HuntedEye x = new HuntedEye();
         Check.due("16 no line", x.drop(), -1);
         Check.retell(x, STILL);
@@ -119,6 +126,7 @@ public final class ActsTest {
     }
 
     private static void promise17Change() {
+        Check.holds(17, "NOISE (0 .. 4; what 0), TRAIN (0 .. 99; 1) is set: what it was. NONE: no LINE (STATUS 0), out of bounds (1), it is so (2).");
         HuntedEye x = new HuntedEye();
         Check.due("17 no line", x.change(0, 1), -1);
         Check.due("17 no line is first", x.change(7, 1), -1);
@@ -144,6 +152,7 @@ public final class ActsTest {
     }
 
     private static void promise18Dice() {
+        Check.holds(18, "DICE: x is that: T. NONE: no LINE (STATUS 0). (An ACT, however it was.)");
         HuntedEye x = new HuntedEye();
         Check.due("18 no line", x.dice(1), -1);
         Check.due("18 status", x.status(0), 1);
@@ -167,6 +176,7 @@ public final class ActsTest {
     }
 
     private static void promise19Seek() {
+        Check.holds(19, "PHASE is SOUGHT. A SEEKING: as long as a PHASE next to it (one less, one more) has a greater HEIGHT, PHASE is that of these whose HEIGHT is greatest");
         HuntedEye x = new HuntedEye();
         Check.due("19 no line", x.seek(), -1);
         Check.due("19 status", x.status(0), 1);
@@ -188,6 +198,7 @@ public final class ActsTest {
     }
 
     private static void promise19SeekTies() {
+        Check.holds(19, "of equal ones the lower");
         HuntedEye x = Check.line("pulse 30,10,30;fore 1;back 0");
         x.phase(1);
         Check.due("19 of equal ones the lower", x.seek(), 0);
@@ -208,6 +219,7 @@ public final class ActsTest {
     }
 
     private static void promise20YearsAsByHand() {
+        Check.holds(20, "YEARS by a seed: n (1 .. 40) times: a draw of 10: below RISK (0 .. 9; 3 at first): a draw of 4: 0 the next SAMPLE is DROPPED, 1 PHASE is a draw of 4, 2 NOISE is a draw of 5, 3 HELD is changed about; then a draw of 8 and 1 more SYMBOLS are SENT (up to 9,999).");
         String line = "pulse 25,40,10,5,12,-6;delay 1;track 1;lock 4;noise 1";
         for (int risk = 0; risk <= 9; risk += 3) {
             HuntedEye x = Check.line(line);
@@ -246,7 +258,28 @@ public final class ActsTest {
         Check.due("20 forty acts", x.count(6), 40);
     }
 
+    private static void promise20YearsAnswer() {
+        Check.holds(20, "YEARS: T. NONE: no LINE, n out of bounds.");
+        // a draw of 10: 1, of 4: 1, of 4: 0 (PHASE), of 8: 6; a draw of 10: 5, of 8: 6
+        HuntedEye x = Check.line(STILL);
+        x.phase(3);
+        Check.due("20 seven symbols", x.years(1, 77), 7);
+        Check.due("20 the phase", x.now(1), 0);
+        HuntedEye y = Check.line(STILL);
+        Check.due("20 fourteen symbols", y.years(2, 77), 14);
+        // a draw of 10: 7, of 8: 0
+        HuntedEye z = Check.line(STILL);
+        z.risk(7);
+        Check.due("20 not below risk: one symbol", z.years(1, 0), 1);
+        // below RISK: a draw of 4: 0 (DROPPED), of 8: 1
+        z.risk(8);
+        Check.due("20 below risk: two more", z.years(1, 0), 3);
+        Check.due("20 the first of these is missing", z.log(1, 0), HuntedEye.HIDDEN);
+        Check.due("20 no line", new HuntedEye().years(1, 1), -1);
+    }
+
     private static void promise20YearsRefused() {
+        Check.holds(20, "NONE: no LINE, n out of bounds.");
         HuntedEye x = new HuntedEye();
         Check.due("20 no line", x.years(1, 1), -1);
         Check.retell(x, STILL);
@@ -265,6 +298,7 @@ public final class ActsTest {
     }
 
     private static void promise21Status() {
+        Check.holds(21, "STATUS: how many ACTS were refused as there was no such one, no LINE (0), out of bounds (1), it is so (2), beyond the last T (3); of several the first; not UNDONE.");
         HuntedEye x = new HuntedEye();
         x.undo();
         x.back();
@@ -274,6 +308,7 @@ public final class ActsTest {
         x.end(5);
         x.text(0);
         for (int i = 0; i < 4; i++) Check.due("21 these are no acts", x.status(i), 0);
+        Check.holds(21, "STATUS. NONE: no such what.");
         x.drop();
         x.send(0);
         Check.due("21 no line", x.status(0), 2);
@@ -290,7 +325,31 @@ public final class ActsTest {
         Check.due("21 not in an image", x.status(2), 1);
     }
 
+    private static void promise22ByHand() {
+        Check.holds(22, "By hand: SYMBOLS are SENT; PHASE, HELD, a TAP (its VOTES become 0), NOISE, TRAIN are set; the next SAMPLE is DROPPED; PHASE is SOUGHT.");
+        HuntedEye x = Check.line("pulse 10,20,30;fore 1;back 0;word 1;gear 9");
+        int[] asked = {0, 1, 2, 0, 4, 5, 7, 1};
+        int[] due = {3, 1, 1, 0, 2, 7, 1, 2};
+        for (int act = 0; act < 8; act++) {
+            if (act == 3) Check.due("22 votes", Check.tap(x, 0, 1), 3);
+            switch (act) {
+                case 0: x.send(3); break;
+                case 1: x.phase(1); break;
+                case 2: x.hold(1); break;
+                case 3: x.set(0, 60); break;
+                case 4: x.change(0, 2); break;
+                case 5: x.change(1, 7); break;
+                case 6: x.drop(); break;
+                default: x.seek();
+            }
+            Check.due("22 one act more", x.count(6), act + 1);
+            Check.due("22 what it did " + act, act == 3 ? Check.tap(x, 0, 1) : x.now(asked[act]), due[act]);
+        }
+        Check.due("22 the tap", Check.tap(x, 0, 0), 60);
+    }
+
     private static void promise22UndoForty() {
+        Check.holds(22, "the latest 40 can be UNDONE one by one");
         HuntedEye x = Check.line(STILL);
         Check.due("22 none", x.undo(), -1);
         for (int i = 1; i <= 45; i++) {
@@ -340,6 +399,7 @@ public final class ActsTest {
     }
 
     private static void promise22UndoEachAct() {
+        Check.holds(22, "All these are ACTS: the latest 40 can be UNDONE one by one");
         for (int act = 0; act < 11; act++) {
             HuntedEye x = aheadOfAct(act);
             int acts = x.count(6);
@@ -370,6 +430,7 @@ public final class ActsTest {
     }
 
     private static void promise22UndoLongSends() {
+        Check.holds(22, "SYMBOLS SENT together are one ACT; the LOG, too");
         HuntedEye x = sent(45);
         for (int i = 0; i < 40; i++) x.undo();
         Check.due("22 the log of forty acts ago", told(x).equals(told(sent(5))), true);
@@ -383,6 +444,7 @@ public final class ActsTest {
     }
 
     private static void promise42Image() {
+        Check.holds(42, "An IMAGE (instead of the one ahead): T. NONE: no LINE.");
         Check.due("42 no line", new HuntedEye().image(), -1);
         String before = told(aheadOfImage());
         for (int more = 0; more < 2; more++) {
@@ -409,6 +471,7 @@ public final class ActsTest {
     }
 
     private static void promise43BackOfTheLine() {
+        Check.holds(43, "BACK: T. NONE: no IMAGE of this LINE.");
         HuntedEye x = Check.line(STILL);
         x.send(1);
         x.image();
@@ -423,6 +486,7 @@ public final class ActsTest {
     }
 
     private static void promise43BackToLog() {
+        Check.holds(43, "An IMAGE keeps all but TEXTS, RISK, STATUS (the LOG and x, too)");
         for (int undone = 0; undone < 2; undone++) {
             HuntedEye x = sent(45);
             x.image();
@@ -437,6 +501,7 @@ public final class ActsTest {
     }
 
     private static void promise44Count() {
+        Check.holds(44, "0 TAPS, 1 SCRIPTS, 2 bytes of the TAPE, 3 T, 4 RISK, 5 how long the LOG is, 6 ACTS that can be UNDONE. HIDDEN for others.");
         HuntedEye x = Check.line("pulse 20;fore 3;back 1");
         x.send(9);
         x.hold(1);

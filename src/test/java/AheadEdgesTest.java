@@ -30,12 +30,12 @@ public final class AheadEdgesTest {
     }
 
     private static void settled() {
-        Check.edge(36, "NONE: not so soon, no LINE, b out of bounds.");
+        Check.holds(36, "NONE: not so soon, no LINE, b out of bounds.");
         Check.due("no LINE", new HuntedEye().settled(0), NONE);
         HuntedEye x = Check.line(CLIMB);
         for (int b : new int[] {-1, 21, Integer.MIN_VALUE, Integer.MAX_VALUE}) Check.due("b out of bounds " + b, x.settled(b), NONE);
         Check.due("never within 0", x.settled(0), NONE);
-        Check.edge(36, "all TAPS come to where they keep within b of what they are then");
+        Check.holds(36, "all TAPS come to where they keep within b of what they are then");
         // 86 and 85 go on for ever: within b of 86 - b at the earliest
         for (int b = 1; b <= 20; b++) Check.due("within " + b, x.settled(b), 86 - b - 64);
         x.hold(1);
@@ -47,7 +47,7 @@ public final class AheadEdgesTest {
         HuntedEye once = Check.line("pulse 15,0,0,0,15;floor 60;level 20;fore 1;back 0;word 1,1,0");
         Check.due("the first one behind counts, too", once.settled(0), 2);
         Check.due("within 1", once.settled(1), 0);
-        Check.edge(36, "SETTLED for b (0 .. 20)");
+        Check.holds(36, "SETTLED for b (0 .. 20)");
         HuntedEye still = Check.line("pulse 20;fore 1;back 0;level 20;word 1");
         Check.due("the least b", still.settled(0), 0);
         Check.due("the greatest b", still.settled(20), 0);
@@ -74,7 +74,7 @@ public final class AheadEdgesTest {
     }
 
     private static void settledFor32() {
-        Check.edge(36, "for the 32 SYMBOLS behind");
+        Check.holds(36, "for the 32 SYMBOLS behind");
         int[] path = path(RARE + "1", 400);
         boolean in32 = false;
         boolean in33 = false;
@@ -94,7 +94,7 @@ public final class AheadEdgesTest {
     }
 
     private static void settledIn200() {
-        Check.edge(36, "in how many SYMBOLS (0 .. 200)");
+        Check.holds(36, "in how many SYMBOLS (0 .. 200)");
         // a move takes nine SYMBOLS: from 63 on 85 comes in 22 times 9, 198
         HuntedEye x = Check.line(CLIMB + ";gear 9");
         x.set(0, 63);
@@ -110,12 +110,12 @@ public final class AheadEdgesTest {
     }
 
     private static void quickest() {
-        Check.edge(37, "NONE: by none, no LINE, b out of bounds.");
+        Check.holds(37, "NONE: by none, no LINE, b out of bounds.");
         Check.due("no LINE", new HuntedEye().quickest(0), NONE);
         HuntedEye x = Check.line(CLIMB);
         for (int b : new int[] {-1, 21, Integer.MIN_VALUE, Integer.MAX_VALUE}) Check.due("b out of bounds " + b, x.quickest(b), NONE);
         Check.due("by none", x.quickest(0), NONE);
-        Check.edge(37, "they are SETTLED soonest (of several the least)");
+        Check.holds(37, "they are SETTLED soonest (of several the least)");
         x.hold(1);
         Check.due("all at once", x.quickest(0), 1);
         Check.due("all at once", x.quickest(20), 1);
@@ -127,7 +127,7 @@ public final class AheadEdgesTest {
     }
 
     private static void quickestAsByGears() {
-        Check.edge(37, "QUICKEST for b: by which gear (1 .. 9; from now on, VOTES as they are");
+        Check.holds(37, "QUICKEST for b: by which gear (1 .. 9; from now on, VOTES as they are");
         String[] lines = {CLIMB, RARE + "9", FALL, "pulse 25,40,10,5,12,-6;delay 1;track 1;lock 4;noise 1", "pulse 30,0,0,0,9,0,0,0,-5;fore 3;back 3",
             "pulse 20,0,0,0,25;fore 2;back 1;track 1;level 30;floor 25"};
         for (String line : lines) {
@@ -148,7 +148,7 @@ public final class AheadEdgesTest {
     }
 
     private static void quickestByVotes() {
-        Check.edge(37, "those of a TAP or of LEVEL whose size is that or more, too, move it as soon as it LEARNS");
+        Check.holds(37, "those of a TAP or of LEVEL whose size is that or more, too, move it as soon as it LEARNS");
         HuntedEye x = Check.line(CLIMB + ";gear 9");
         x.send(8);
         Check.due("VOTES", Check.tap(x, 0, 1), 8);
@@ -171,7 +171,7 @@ public final class AheadEdgesTest {
     }
 
     private static void coming() {
-        Check.edge(38, "HIDDEN: no LINE, n out of bounds, no such TAP, no such what.");
+        Check.holds(38, "HIDDEN: no LINE, n out of bounds, no such TAP, no such what.");
         for (int what = 0; what < 13; what++) Check.due("no LINE", new HuntedEye().coming(0, what), HIDDEN);
         HuntedEye x = Check.line(CLIMB);
         for (int n : new int[] {-1, 61, Integer.MIN_VALUE, Integer.MAX_VALUE}) Check.due("n out of bounds " + n, x.coming(n, 8), HIDDEN);
@@ -179,10 +179,10 @@ public final class AheadEdgesTest {
         for (int what = 1; what <= 5; what++) Check.due("no such TAP " + what, x.coming(1, what), HIDDEN);
         HuntedEye six = Check.line("pulse 30;fore 3;back 3;word 1");
         for (int what = 0; what <= 12; what++) Check.due("there is " + what, six.coming(60, what) != HIDDEN, true);
-        Check.edge(38, "COMING, n (0 .. 60)");
+        Check.holds(38, "COMING, n (0 .. 60)");
         Check.due("no more", x.coming(0, 8), 0);
         Check.due("sixty more", x.coming(60, 8), 60);
-        Check.edge(38, "7 the size of Z, the latest (0: no SYMBOL yet)");
+        Check.holds(38, "7 the size of Z, the latest (0: no SYMBOL yet)");
         Check.due("no SYMBOL yet", x.coming(0, 7), 0);
         Check.due("the first", x.coming(1, 7), 64 * 30);
         x.send(1);
@@ -191,7 +191,7 @@ public final class AheadEdgesTest {
         Check.due("UNDONE: no SYMBOL yet", x.coming(0, 7), 0);
         HuntedEye below = Check.line("pulse 30;fore 1;back 0;word 0");
         Check.due("the size of one below 0", below.coming(1, 7), 64 * 30);
-        Check.edge(38, "6 WRONG in these");
+        Check.holds(38, "6 WRONG in these");
         HuntedEye wrong = Check.line(FALL);
         wrong.send(5);
         Check.due("not those ahead", wrong.coming(3, 6), 3);
@@ -199,7 +199,7 @@ public final class AheadEdgesTest {
     }
 
     private static void comingTaps() {
-        Check.edge(38, "what 0 to 5: a TAP");
+        Check.holds(38, "what 0 to 5: a TAP");
         String line = "pulse 25,40,10,5,12,-6;delay 1;track 1;lock 4;noise 3;gear 2;floor 25;fore 3;back 3;seed 77";
         for (int n : new int[] {0, 1, 59, 60}) {
             HuntedEye x = Check.line(line);
@@ -217,11 +217,11 @@ public final class AheadEdgesTest {
     }
 
     private static void gain() {
-        Check.edge(39, "GAIN. HIDDEN: no LINE, n out of bounds.");
+        Check.holds(39, "GAIN. HIDDEN: no LINE, n out of bounds.");
         Check.due("no LINE", new HuntedEye().gain(1), HIDDEN);
         HuntedEye x = Check.line(FALL);
         for (int n : new int[] {0, -1, 61, Integer.MIN_VALUE, Integer.MAX_VALUE}) Check.due("n out of bounds " + n, x.gain(n), HIDDEN);
-        Check.edge(39, "GAIN, n (1 .. 60): how many WRONG ones come in n SYMBOLS if HELD from now, less those if not");
+        Check.holds(39, "GAIN, n (1 .. 60): how many WRONG ones come in n SYMBOLS if HELD from now, less those if not");
         x.set(0, 1);
         // Z -20 then 0: WRONG once, or for ever if HELD
         Check.due("one", x.gain(1), 0);
@@ -246,19 +246,19 @@ public final class AheadEdgesTest {
     }
 
     private static void worst() {
-        Check.edge(40, "NONE: no LINE, n out of bounds, no such what.");
+        Check.holds(40, "NONE: no LINE, n out of bounds, no such what.");
         Check.due("no LINE", new HuntedEye().worst(1, 0), NONE);
         HuntedEye x = Check.line("pulse 20;fore 1;back 0;level 20;word 1,1,1,1,1,0");
         for (int n : new int[] {0, -1, 7, Integer.MIN_VALUE, Integer.MAX_VALUE}) Check.due("n out of bounds " + n, x.worst(n, 0), NONE);
         for (int what : new int[] {-1, 2, Integer.MIN_VALUE, Integer.MAX_VALUE}) Check.due("no such what " + what, x.worst(1, what), NONE);
-        Check.edge(40, "WORST, n (1 .. 6): of DROPS of one of the next n SAMPLES (the k-th from 0)");
+        Check.holds(40, "WORST, n (1 .. 6): of DROPS of one of the next n SAMPLES (the k-th from 0)");
         Check.due("the sixth is not among five", x.worst(5, 1), 0);
         Check.due("the sixth", x.worst(6, 0), 5);
         Check.due("one WRONG", x.worst(6, 1), 1);
         x.send(5);
         Check.due("the next one", x.worst(1, 0), 0);
         Check.due("one WRONG", x.worst(1, 1), 1);
-        Check.edge(40, "of several the least k");
+        Check.holds(40, "of several the least k");
         HuntedEye none = Check.line("pulse 20;fore 1;back 0;level 20;word 1");
         Check.due("all the same", none.worst(6, 0), 0);
         HuntedEye two = Check.line("pulse 20;fore 1;back 0;level 20;word 1,0,1,0");
@@ -266,7 +266,7 @@ public final class AheadEdgesTest {
     }
 
     private static void worstOf40() {
-        Check.edge(40, "that by which most of the next 40 SYMBOLS are WRONG");
+        Check.holds(40, "that by which most of the next 40 SYMBOLS are WRONG");
         HuntedEye all = Check.line("pulse -20;fore 1;back 0;level 20;word 0");
         all.hold(1);
         for (int n = 1; n <= 6; n++) Check.due("all forty", all.worst(n, 1), 40);
@@ -290,12 +290,12 @@ public final class AheadEdgesTest {
     }
 
     private static void odds() {
-        Check.edge(41, "ODDS. NONE: no LINE, n out of bounds.");
+        Check.holds(41, "ODDS. NONE: no LINE, n out of bounds.");
         Check.due("no LINE", new HuntedEye().odds(1), NONE);
         HuntedEye x = Check.line("pulse 9;fore 1;back 0;word 1;floor 0;level 9");
         for (int n : new int[] {0, -1, 5, Integer.MIN_VALUE, Integer.MAX_VALUE}) Check.due("n out of bounds " + n, x.odds(n), NONE);
         x.hold(1);
-        Check.edge(41, "ODDS, n (1 .. 4): of all rows of noise in the next n SAMPLES (each of twice NOISE and 1");
+        Check.holds(41, "ODDS, n (1 .. 4): of all rows of noise in the next n SAMPLES (each of twice NOISE and 1");
         for (int noise = 0; noise <= 4; noise++) {
             if (noise > 0) x.change(0, noise);
             int rows = 1;
@@ -306,7 +306,7 @@ public final class AheadEdgesTest {
         }
         x.set(0, -64);
         for (int n = 1; n <= 4; n++) Check.due("no row", x.odds(n), 0);
-        Check.edge(41, "by how many no SYMBOL of these is WRONG");
+        Check.holds(41, "by how many no SYMBOL of these is WRONG");
         for (int pulse = -5; pulse <= 5; pulse++) {
             HuntedEye y = Check.line("pulse " + pulse + ";fore 1;back 0;word 1;floor 0;noise 4");
             y.hold(1);
@@ -318,7 +318,7 @@ public final class AheadEdgesTest {
     }
 
     private static void oddsOfDrops() {
-        Check.edge(41, "those that the draws would give count for nothing");
+        Check.holds(41, "those that the draws would give count for nothing");
         HuntedEye x = Check.line("pulse 2;fore 1;back 0;word 1;floor 0;noise 3");
         x.hold(1);
         for (long v : new long[] {0, 1, -1, Long.MAX_VALUE, Long.MIN_VALUE}) {
@@ -348,7 +348,7 @@ public final class AheadEdgesTest {
     }
 
     private static void behindTheLast() {
-        Check.edge(38, "Apart, from as it is now; SYMBOLS go on behind 9,999, but not in RUN.");
+        Check.holds(38, "Apart, from as it is now; SYMBOLS go on behind 9,999, but not in RUN.");
         // 9999 is 15 modulo 16: the next bit is the last of the word
         HuntedEye x = Check.line(FLAT + "1,1,1,1,1,1,1,1,1,1,1,1,1,1,0,0");
         x.hold(1);
@@ -358,9 +358,9 @@ public final class AheadEdgesTest {
         Check.due("WRONG in 16", x.coming(16, 6), 2);
         Check.due("WRONG in 60", x.coming(60, 6), 7);
         Check.due("T goes on", x.coming(60, 8), 10059);
-        Check.edge(40, "Apart, from as it is now; SYMBOLS go on behind 9,999");
+        Check.holds(40, "Apart, from as it is now; SYMBOLS go on behind 9,999");
         Check.due("WORST goes on", x.worst(6, 1), 5);
-        Check.edge(41, "Apart, from as it is now; SYMBOLS go on behind 9,999");
+        Check.holds(41, "Apart, from as it is now; SYMBOLS go on behind 9,999");
         x.change(0, 4);
         x.set(0, 1);
         // by a noise of less than 0
@@ -370,17 +370,17 @@ public final class AheadEdgesTest {
         HuntedEye y = Check.line(FALL + ";gear 9");
         y.hold(1);
         Check.sendTo(y, 9999);
-        Check.edge(39, "Apart, from as it is now; SYMBOLS go on behind 9,999");
+        Check.holds(39, "Apart, from as it is now; SYMBOLS go on behind 9,999");
         y.set(0, 1);
         y.change(1, 99);
         Check.due("GAIN goes on", y.gain(20), 11);
-        Check.edge(36, "Apart, from as it is now; SYMBOLS go on behind 9,999");
+        Check.holds(36, "Apart, from as it is now; SYMBOLS go on behind 9,999");
         HuntedEye z = Check.line(CLIMB);
         z.hold(1);
         Check.sendTo(z, 9999);
         z.hold(0);
         Check.due("SETTLED goes on", z.settled(1), 21);
-        Check.edge(37, "Apart, from as it is now; SYMBOLS go on behind 9,999");
+        Check.holds(37, "Apart, from as it is now; SYMBOLS go on behind 9,999");
         Check.due("QUICKEST goes on", z.quickest(4), 7);
     }
 }

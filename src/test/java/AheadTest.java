@@ -21,6 +21,7 @@ public final class AheadTest {
     }
 
     private static void promise36Settled() {
+        Check.holds(36, "in how many SYMBOLS (0 .. 200) all TAPS come to where they keep within b of what they are then for the 32 SYMBOLS behind");
         HuntedEye x = Check.line(CLIMB);
         Check.due("36 goes on for ever", x.settled(0), -1);
         Check.due("36 within 1", x.settled(1), 21);
@@ -30,6 +31,8 @@ public final class AheadTest {
         Check.due("36 by now", x.settled(1), 0);
         x.hold(1);
         Check.due("36 held", x.settled(0), 0);
+        Check.holds(36, "SETTLED. NONE: not so soon, no LINE, b out of bounds.");
+        Check.due("36 all the same as now", x.settled(20), 0);
         Check.due("36 b", x.settled(21), -1);
         Check.due("36 b", x.settled(-1), -1);
         Check.due("36 no line", new HuntedEye().settled(1), -1);
@@ -44,6 +47,7 @@ public final class AheadTest {
     }
 
     private static void promise37Quickest() {
+        Check.holds(37, "they are SETTLED soonest (of several the least)");
         HuntedEye x = Check.line(CLIMB);
         Check.due("37 within 4: four moves in 32", x.quickest(4), 7);
         Check.due("37 within 3", x.quickest(3), 9);
@@ -51,6 +55,8 @@ public final class AheadTest {
         Check.due("37 by none", x.quickest(0), -1);
         x.hold(1);
         Check.due("37 all at once: the least", x.quickest(0), 1);
+        Check.holds(37, "QUICKEST. NONE: by none, no LINE, b out of bounds.");
+        Check.due("37 the first gear", x.quickest(20), 1);
         Check.due("37 b", x.quickest(21), -1);
         Check.due("37 b", x.quickest(-1), -1);
         Check.due("37 no line", new HuntedEye().quickest(1), -1);
@@ -60,6 +66,7 @@ public final class AheadTest {
     }
 
     private static void promise37VotesAsTheyAre() {
+        Check.holds(37, "from now on, VOTES as they are; those of a TAP or of LEVEL whose size is that or more, too, move it as soon as it LEARNS");
         HuntedEye x = Check.line(CLIMB + ";gear 9");
         x.send(5);
         Check.due("37 votes", Check.tap(x, 0, 1), 5);
@@ -72,6 +79,7 @@ public final class AheadTest {
     }
 
     private static void promise38Coming() {
+        Check.holds(38, "COMING: what 0 to 5: a TAP, 6 WRONG in these, 7 the size of Z, the latest (0: no SYMBOL yet), 8 T, 9 RUNS ended, 10 whether DARK, 11 PHASE, 12 LEVEL.");
         HuntedEye x = Check.line(CLIMB);
         Check.due("38 no more", x.coming(0, 0), 64);
         Check.due("38 no symbol yet", x.coming(0, 7), 0);
@@ -91,6 +99,7 @@ public final class AheadTest {
     }
 
     private static void promise38ComingOthers() {
+        Check.holds(38, "COMING, n (0 .. 60): TAPS, how many WRONG, of which size Z is, T, RUNS behind n more SYMBOLS.");
         HuntedEye x = Check.line("pulse 25,40,10,5,12,-6;delay 1;track 1;lock 4;noise 3;gear 2;floor 25;fore 3;back 3;seed 77");
         x.send(7);
         HuntedEye then = Check.line("pulse 25,40,10,5,12,-6;delay 1;track 1;lock 4;noise 3;gear 2;floor 25;fore 3;back 3;seed 77");
@@ -109,6 +118,7 @@ public final class AheadTest {
     }
 
     private static void promise39Gain() {
+        Check.holds(39, "GAIN, n (1 .. 60): how many WRONG ones come in n SYMBOLS if HELD from now, less those if not");
         HuntedEye x = Check.line(FALL);
         Check.due("39 as wrong", x.gain(60), 0);
         x.send(60);
@@ -124,10 +134,12 @@ public final class AheadTest {
     }
 
     private static void promise40Worst() {
+        Check.holds(40, "WORST, n (1 .. 6): of DROPS of one of the next n SAMPLES (the k-th from 0) that by which most of the next 40 SYMBOLS are WRONG (of several the least k); how many.");
         HuntedEye x = Check.line("pulse 20;fore 1;back 0;level 20;word 1,1,0");
         // a DROP is decided 1
         Check.due("40 none wrong: the least", x.worst(2, 0), 0);
         Check.due("40 none wrong", x.worst(2, 1), 0);
+        Check.holds(40, "WORST: which (0), how many (1). NONE: no LINE, n out of bounds, no such what.");
         Check.due("40 the third", x.worst(3, 0), 2);
         Check.due("40 one wrong", x.worst(3, 1), 1);
         Check.due("40 of several the least", x.worst(6, 0), 2);
@@ -149,6 +161,7 @@ public final class AheadTest {
     }
 
     private static void promise41Odds() {
+        Check.holds(41, "ODDS, n (1 .. 4): of all rows of noise in the next n SAMPLES (each of twice NOISE and 1; those that the draws would give count for nothing) by how many no SYMBOL of these is WRONG.");
         HuntedEye x = Check.line("pulse 2;fore 1;back 0;word 1;noise 4;floor 0");
         x.hold(1);
         // right by a noise of -2 and more: seven of nine
@@ -172,6 +185,7 @@ public final class AheadTest {
     }
 
     private static void promise41OddsLearn() {
+        Check.holds(41, "by how many no SYMBOL of these is WRONG");
         HuntedEye x = Check.line("pulse 1;fore 1;back 0;word 1;noise 1;floor 0;level 1");
         x.set(0, -1);
         // Z is -1 times 0, 1, 2: right by -1 alone, decided 1, ERROR -64, SAMPLE 0: no vote, the TAP stays
@@ -187,6 +201,7 @@ public final class AheadTest {
     }
 
     private static void nothingIsChanged() {
+        Check.holds(36, "Apart, from as it is now");
         HuntedEye x = Check.line("pulse 25,40,10,5,12,-6;delay 1;track 1;lock 4;noise 3;gear 2;floor 25");
         HuntedEye y = Check.line("pulse 25,40,10,5,12,-6;delay 1;track 1;lock 4;noise 3;gear 2;floor 25");
         x.send(30);

@@ -7,7 +7,7 @@ final class Check {
     private Check() { }
 
     /** What follows holds these words of the document, for this promise. SentencesTest looks whether they stand there. */
-    static void edge(int promise, String words) {
+    static void holds(int promise, String words) {
         needLook();
         looked = false;
         held = "promise " + promise + ", '" + words + "': ";

@@ -35,7 +35,7 @@ public final class RowEdgesTest {
     }
 
     private static void eye() {
-        Check.edge(27, "how many are right by 1 for Z of 64 v and more, else -1");
+        Check.holds(27, "how many are right by 1 for Z of 64 v and more, else -1");
         HuntedEye x = high(1280 / 20 * 3);
         // Z is 192 or -192: 64 times 3 and -3
         Check.due("64 v is HIGH", x.eye(0, 3), 64);
@@ -51,7 +51,7 @@ public final class RowEdgesTest {
         Check.due("Z of 0 is 1", x.eye(0, 0), 32);
         x.set(0, -1);
         Check.due("none is right", x.eye(0, 0), 0);
-        Check.edge(27, "EYE of a PHASE and a v (-99 .. 99)");
+        Check.holds(27, "EYE of a PHASE and a v (-99 .. 99)");
         HuntedEye far = high(60 * 106);
         Check.due("the greatest v", far.eye(0, 99), 64);
         Check.due("the least v", far.eye(0, -99), 64);
@@ -61,7 +61,7 @@ public final class RowEdgesTest {
     }
 
     private static void eyeRefused() {
-        Check.edge(27, "NONE: no LINE, no such PHASE, v out of bounds.");
+        Check.holds(27, "NONE: no LINE, no such PHASE, v out of bounds.");
         Check.due("no LINE", new HuntedEye().eye(0, 0), NONE);
         HuntedEye x = Check.line("pulse 20,20,20,20;fore 1;back 0");
         Check.due("PHASE 0", x.eye(0, 0), 64);
@@ -71,7 +71,7 @@ public final class RowEdgesTest {
     }
 
     private static void opening() {
-        Check.edge(28, "the HIGH: the least Z of ROWS with TRUTH 1, the LOW: the greatest of those with -1; HEIGHT: HIGH less LOW");
+        Check.holds(28, "the HIGH: the least Z of ROWS with TRUTH 1, the LOW: the greatest of those with -1; HEIGHT: HIGH less LOW");
         HuntedEye x = Check.line("pulse 20,20,20,20,7,0,0,-7;fore 1;back 0");
         Check.due("HIGH", x.opening(0, 0), 64 * 13);
         Check.due("LOW", x.opening(0, 1), -64 * 13);
@@ -102,30 +102,30 @@ public final class RowEdgesTest {
         Check.due("Z of ROW 1", one.weigh(1, 0, 0), 1920 - 94 - 95 - 66 - 2 - 1);
         Check.due("HIGH of ROW 1 alone", one.opening(0, 0), 1920 - 94 - 95 - 66 - 2 - 1);
         Check.due("LOW of ROW 62 alone", one.opening(0, 1), -1920 + 94 + 95 + 66 + 2 + 1);
-        Check.edge(28, "the MIDDLE: half of HIGH and LOW together, rounded down");
+        Check.holds(28, "the MIDDLE: half of HIGH and LOW together, rounded down");
         Check.due("the MIDDLE", x.opening(0, 3), 0);
         x.set(0, 63);
         Check.due("the MIDDLE of odd ones", x.opening(0, 3), 0);
-        Check.edge(28, "HIDDEN: no LINE, no such PHASE, what.");
+        Check.holds(28, "HIDDEN: no LINE, no such PHASE, what.");
         for (int what = 0; what < 4; what++) Check.due("no LINE", new HuntedEye().opening(0, what), HIDDEN);
         for (int phase : new int[] {-1, 4, Integer.MIN_VALUE, Integer.MAX_VALUE}) Check.due("no such PHASE", x.opening(phase, 0), HIDDEN);
         for (int what : new int[] {-1, 4, Integer.MIN_VALUE, Integer.MAX_VALUE}) Check.due("no such what", x.opening(0, what), HIDDEN);
     }
 
     private static void weigh() {
-        Check.edge(29, "HIDDEN: no LINE, no such ones.");
+        Check.holds(29, "HIDDEN: no LINE, no such ones.");
         Check.due("no LINE", new HuntedEye().weigh(0, 0, 0), HIDDEN);
         Check.due("no LINE", new HuntedEye().weigh(0, 0, 1), HIDDEN);
         HuntedEye x = Check.line("pulse 20,20,20,20;fore 1;back 0");
         for (int row : new int[] {-1, 64, Integer.MIN_VALUE, Integer.MAX_VALUE}) Check.due("no such ROW", x.weigh(row, 0, 0), HIDDEN);
         for (int phase : new int[] {-1, 4, Integer.MIN_VALUE, Integer.MAX_VALUE}) Check.due("no such PHASE", x.weigh(0, phase, 1), HIDDEN);
         for (int what : new int[] {-1, 2, Integer.MIN_VALUE, Integer.MAX_VALUE}) Check.due("no such what", x.weigh(0, 0, what), HIDDEN);
-        Check.edge(29, "Z of a ROW (0 .. 63; 0), its TRUTH (1), at a PHASE.");
+        Check.holds(29, "Z of a ROW (0 .. 63; 0), its TRUTH (1), at a PHASE.");
         Check.due("the least ROW", x.weigh(0, 3, 0), -1280);
         Check.due("its TRUTH", x.weigh(0, 3, 1), -1);
         Check.due("the greatest ROW", x.weigh(63, 3, 0), 1280);
         Check.due("its TRUTH", x.weigh(63, 3, 1), 1);
-        Check.edge(29, "without noise and with each KEPT the TRUTH then");
+        Check.holds(29, "without noise and with each KEPT the TRUTH then");
         HuntedEye y = Check.line("pulse 20;fore 1;back 1;noise 4;train 5;word 1");
         y.set(1, 7);
         y.send(3);
@@ -137,7 +137,7 @@ public final class RowEdgesTest {
     }
 
     private static void weighTheSixth() {
-        Check.edge(29, "there is a Z and a TRUTH (none is asked for beyond the sixth)");
+        Check.holds(29, "there is a Z and a TRUTH (none is asked for beyond the sixth)");
         // FORE TAP 2 by number 12 of pulse: SENT 5 SYMBOLS ago; BACK TAP 3 by delay 2: the same one
         HuntedEye x = Check.line("pulse 0,0,0,0,0,0,0,0,0,0,0,0,5;fore 3;back 3;delay 2");
         x.set(0, 0);
@@ -154,11 +154,11 @@ public final class RowEdgesTest {
     }
 
     private static void map() {
-        Check.edge(30, "NONE: no LINE, no such what.");
+        Check.holds(30, "NONE: no LINE, no such what.");
         for (int what = 0; what < 3; what++) Check.due("no LINE", new HuntedEye().map(what), NONE);
         HuntedEye x = Check.line("pulse 0,30,30,0;fore 1;back 0;level 10");
         for (int what : new int[] {-1, 3, Integer.MIN_VALUE, Integer.MAX_VALUE}) Check.due("no such what", x.map(what), NONE);
-        Check.edge(30, "the PHASE with most (of several the lowest); by how many it is that");
+        Check.holds(30, "the PHASE with most (of several the lowest); by how many it is that");
         Check.due("how many", x.map(0), 42);
         Check.due("the lower of two", x.map(1), 1);
         Check.due("by how many", x.map(2), 21);
@@ -173,7 +173,7 @@ public final class RowEdgesTest {
     }
 
     private static void mapOfLevels() {
-        Check.edge(30, "of all PHASES and all v from - LEVEL to LEVEL: how many have an EYE of 64");
+        Check.holds(30, "of all PHASES and all v from - LEVEL to LEVEL: how many have an EYE of 64");
         int[] highs = {0, 1, 63, 64, 65, 127, 128, 129, 192};
         // v from above - high / 64 to high / 64
         int[] open = {0, 1, 1, 2, 3, 3, 4, 5, 6};
@@ -196,17 +196,17 @@ public final class RowEdgesTest {
     }
 
     private static void bears() {
-        Check.edge(31, "BEARS. HIDDEN: no LINE, no such PHASE.");
+        Check.holds(31, "BEARS. HIDDEN: no LINE, no such PHASE.");
         Check.due("no LINE", new HuntedEye().bears(0), HIDDEN);
         HuntedEye x = Check.line("pulse 60,1,0,-1;fore 1;back 0");
         for (int phase : new int[] {-1, 4, Integer.MIN_VALUE, Integer.MAX_VALUE}) Check.due("no such PHASE", x.bears(phase), HIDDEN);
-        Check.edge(31, "the greatest N (0 .. 99) so that with a noise of -N .. N, whatever it is, in each SAMPLE all 64 ROWS are right by 1 for Z of 0 and more");
+        Check.holds(31, "the greatest N (0 .. 99) so that with a noise of -N .. N, whatever it is, in each SAMPLE all 64 ROWS are right by 1 for Z of 0 and more");
         Check.due("Z of 0 would be WRONG for -1", x.bears(0), 59);
         Check.due("0", x.bears(1), 0);
         x.set(0, 1);
         Check.due("60 by a TAP of 1", x.bears(0), 59);
         x.set(0, 64);
-        Check.edge(31, "NONE: not even with 0");
+        Check.holds(31, "NONE: not even with 0");
         Check.due("Z is 0", x.bears(2), NONE);
         Check.due("Z is changed about", x.bears(3), NONE);
         HuntedEye two = Check.line("pulse 30;fore 2;back 1");
@@ -229,13 +229,13 @@ public final class RowEdgesTest {
     }
 
     private static void burst() {
-        Check.edge(32, "NONE: no LINE, no such ones. HIDDEN: without end.");
+        Check.holds(32, "NONE: no LINE, no such ones. HIDDEN: without end.");
         Check.due("no LINE", new HuntedEye().burst(0, 0), NONE);
         HuntedEye x = Check.line(SPREADING);
         for (int row : new int[] {-1, 64, Integer.MIN_VALUE, Integer.MAX_VALUE}) Check.due("no such ROW", x.burst(row, 0), NONE);
         for (int what : new int[] {-1, 2, Integer.MIN_VALUE, Integer.MAX_VALUE}) Check.due("no such what", x.burst(0, what), NONE);
         x.set(1, 4);
-        Check.edge(32, "how many followed at most; how many were WRONG at most (the first one, too)");
+        Check.holds(32, "how many followed at most; how many were WRONG at most (the first one, too)");
         // 10 s1 + 10 s2 is 0 where they differ: WRONG for s1 -1, s2 1 alone
         int[] due = {1, 1, 2, 1};
         for (int row = 0; row < 64; row++) {
@@ -260,7 +260,7 @@ public final class RowEdgesTest {
             Check.due("followed by either bit " + row, either.burst(row, 0), two[row % 4]);
             Check.due("WRONG by either bit " + row, either.burst(row, 1), two[row % 4]);
         }
-        Check.edge(32, "BURST: TAPS as they are, none LEARNT, no noise, PHASE as now");
+        Check.holds(32, "BURST: TAPS as they are, none LEARNT, no noise, PHASE as now");
         HuntedEye y = Check.line("pulse 20,0,0,0,0,20;fore 1;back 1;noise 4;lock 1;word 1");
         Check.due("PHASE 0", y.burst(0, 0), 1);
         y.phase(1);
@@ -288,13 +288,13 @@ public final class RowEdgesTest {
     }
 
     private static void burstOfBackTaps() {
-        Check.edge(32, "Without BACK TAPS 0 followed, 1 WRONG.");
+        Check.holds(32, "Without BACK TAPS 0 followed, 1 WRONG.");
         HuntedEye none = Check.line("pulse -20;fore 1;back 0");
         for (int row = 0; row < 64; row++) {
             Check.due("followed", none.burst(row, 0), 0);
             Check.due("WRONG", none.burst(row, 1), 1);
         }
-        Check.edge(32, "until none of the newest as many as there are BACK TAPS is WRONG");
+        Check.holds(32, "until none of the newest as many as there are BACK TAPS is WRONG");
         for (int back = 1; back <= 3; back++) {
             HuntedEye x = Check.line("pulse 20;fore 1;back " + back);
             for (int row = 0; row < 64; row += 9) {
@@ -318,7 +318,7 @@ public final class RowEdgesTest {
     }
 
     private static void burstWithoutEnd() {
-        Check.edge(32, "HIDDEN: there is a way on which it never ends");
+        Check.holds(32, "HIDDEN: there is a way on which it never ends");
         HuntedEye x = Check.line(SPREADING);
         x.set(1, 5);
         // 10 s1 + 11 s2: WRONG as long as they differ
@@ -327,15 +327,15 @@ public final class RowEdgesTest {
             Check.due("followed " + row, x.burst(row, 0), due[row % 4]);
             Check.due("WRONG " + row, x.burst(row, 1), due[row % 4]);
         }
-        Check.edge(32, "from a ROW whose newest DECISION is WRONG, whatever it would be, all ones ahead of it right");
+        Check.holds(32, "from a ROW whose newest DECISION is WRONG, whatever it would be, all ones ahead of it right");
         HuntedEye all = Check.line("pulse -20;fore 1;back 1");
         for (int row = 0; row < 64; row++) Check.due("all are WRONG", all.burst(row, 0), HIDDEN);
     }
 
     private static void bursts() {
-        Check.edge(33, "BURSTS: the ROW. NONE: no LINE.");
+        Check.holds(33, "BURSTS: the ROW. NONE: no LINE.");
         Check.due("no LINE", new HuntedEye().bursts(), NONE);
-        Check.edge(33, "BURSTS: the ROW from which most follow (of several the lowest; any without end is most).");
+        Check.holds(33, "BURSTS: the ROW from which most follow (of several the lowest; any without end is most).");
         HuntedEye x = Check.line(SPREADING);
         Check.due("all the same", x.bursts(), 0);
         x.set(1, 4);
@@ -349,20 +349,20 @@ public final class RowEdgesTest {
     }
 
     private static void unrolled() {
-        Check.edge(34, "HIDDEN: no SYMBOL yet, no such row.");
+        Check.holds(34, "HIDDEN: no SYMBOL yet, no such row.");
         Check.due("no LINE", new HuntedEye().unrolled(0), HIDDEN);
         for (int back = 0; back <= 3; back++) {
             HuntedEye x = Check.line("pulse 20;fore 1;word 1;back " + back);
             Check.due("no SYMBOL yet", x.unrolled(0), HIDDEN);
             for (int j = 1; j <= back; j++) x.set(j, 1 << j);
             x.send(1);
-            Check.edge(34, "as many as BACK TAPS");
+            Check.holds(34, "as many as BACK TAPS");
             for (int row = 0; row < 1 << back; row++) {
                 int off = 0;
                 for (int j = 1; j <= back; j++) off += (row >> j - 1 & 1) == 1 ? 1 << j : -(1 << j);
                 Check.due("row " + row, x.unrolled(row), 1280 - 64 * off);
             }
-            Check.edge(34, "HIDDEN: no SYMBOL yet, no such row.");
+            Check.holds(34, "HIDDEN: no SYMBOL yet, no such row.");
             Check.due("no such row", x.unrolled(1 << back), HIDDEN);
             Check.due("no such row", x.unrolled(-1), HIDDEN);
             for (int far : FAR) Check.due("far", x.unrolled(far), HIDDEN);
@@ -377,7 +377,7 @@ public final class RowEdgesTest {
     }
 
     private static void unrolledThen() {
-        Check.edge(34, "at the latest SYMBOL (as it was then, ahead of what it LEARNT)");
+        Check.holds(34, "at the latest SYMBOL (as it was then, ahead of what it LEARNT)");
         HuntedEye x = Check.line("pulse 20,60;fore 2;back 1;word 1");
         x.send(2);
         // then TAP 0 was 65, TAP 1 was 0: no SAMPLE ahead of the first; the BACK TAP was 0
@@ -401,7 +401,7 @@ public final class RowEdgesTest {
     }
 
     private static void improved() {
-        Check.edge(35, "which value, not more than 31 from what it is (-255 .. 255), gives the greatest HEIGHT at the PHASE as now");
+        Check.holds(35, "which value, not more than 31 from what it is (-255 .. 255), gives the greatest HEIGHT at the PHASE as now");
         Check.due("31 more", improvedFrom(65, 0), 96);
         Check.due("its HEIGHT", improvedFrom(65, 1), 40 * 96);
         Check.due("to 255 itself", improvedFrom(224, 0), 255);
@@ -420,7 +420,7 @@ public final class RowEdgesTest {
         HuntedEye six = Check.line("pulse 20,0,0,0,0,0,0,0,0,0,0,0,10;fore 3;back 3");
         Check.due("the sixth TAP", six.improved(5, 0), 10);
         Check.due("its HEIGHT", six.improved(5, 1), 2 * 1280);
-        Check.edge(35, "HIDDEN: no such ones.");
+        Check.holds(35, "HIDDEN: no such ones.");
         Check.due("no LINE", new HuntedEye().improved(0, 0), HIDDEN);
         for (int tap : new int[] {-1, 1, Integer.MIN_VALUE, Integer.MAX_VALUE}) Check.due("no such TAP", less.improved(tap, 0), HIDDEN);
         for (int what : new int[] {-1, 2, Integer.MIN_VALUE, Integer.MAX_VALUE}) Check.due("no such what", less.improved(0, what), HIDDEN);
@@ -428,7 +428,7 @@ public final class RowEdgesTest {
     }
 
     private static void improvedTies() {
-        Check.edge(35, "gives the greatest HEIGHT at the PHASE as now (of several the least)");
+        Check.holds(35, "gives the greatest HEIGHT at the PHASE as now (of several the least)");
         HuntedEye x = Check.line("pulse 20,0,0,0,10;fore 1;back 1");
         x.phase(1);
         Check.due("all the same: the least", x.improved(0, 0), 33);

@@ -21,6 +21,7 @@ public final class RowsTest {
     }
 
     private static void promise27Eye() {
+        Check.holds(27, "EYE of a PHASE and a v (-99 .. 99): of the 64 ROWS how many are right by 1 for Z of 64 v and more, else -1.");
         HuntedEye x = Check.line(LATE);
         Check.due("27 open", x.eye(0, 0), 64);
         Check.due("27 Z of 64 v itself is 1", x.eye(0, 20), 64);
@@ -33,6 +34,7 @@ public final class RowsTest {
         // Z is 640 s0 + 2560 s1 + 1920 s2: 0 for s0 1, s1 -1, s2 1
         Check.due("27 Z of 0 is 1", x.eye(0, 0), 56);
         Check.due("27 no pulse there", x.eye(1, 0), 32);
+        Check.holds(27, "EYE. NONE: no LINE, no such PHASE, v out of bounds.");
         Check.due("27 no such phase", x.eye(4, 0), -1);
         Check.due("27 no such phase", x.eye(-1, 0), -1);
         Check.due("27 v", x.eye(0, 100), -1);
@@ -49,6 +51,7 @@ public final class RowsTest {
     }
 
     private static void promise28Opening() {
+        Check.holds(28, "OPENING of a PHASE: the HIGH: the least Z of ROWS with TRUTH 1, the LOW: the greatest of those with -1; HEIGHT: HIGH less LOW; the MIDDLE: half of HIGH and LOW together, rounded down.");
         HuntedEye x = Check.line(LATE);
         opening(x, 0, 1280, -1280);
         x.set(1, 64);
@@ -59,6 +62,9 @@ public final class RowsTest {
         x.set(0, -64);
         // Z is -640 s0 - 1280 s1
         opening(x, 0, -1920, 1920);
+        Check.holds(28, "OPENING: 0 HIGH, 1 LOW, 2 HEIGHT, 3 the MIDDLE. HIDDEN: no LINE, no such PHASE, what.");
+        int[] due = {-1920, 1920, -3840, 0};
+        for (int what = 0; what < 4; what++) Check.due("28 what " + what, x.opening(0, what), due[what]);
         Check.due("28 no such phase", x.opening(4, 0), HIDDEN);
         Check.due("28 no such phase", x.opening(-1, 0), HIDDEN);
         Check.due("28 no such what", x.opening(0, 4), HIDDEN);
@@ -67,6 +73,7 @@ public final class RowsTest {
     }
 
     private static void promise29Weigh() {
+        Check.holds(29, "ROWS of six bits: bit k is 1 for SENT 1, 0 for -1, k SYMBOLS ago. By a ROW, a PHASE and TAPS as they are, without noise and with each KEPT the TRUTH then, there is a Z and a TRUTH");
         HuntedEye x = Check.line(LATE);
         x.set(1, 64);
         x.set(2, 3);
@@ -87,6 +94,7 @@ public final class RowsTest {
     }
 
     private static void promise29WeighFarBack() {
+        Check.holds(29, "there is a Z and a TRUTH (none is asked for beyond the sixth)");
         HuntedEye x = Check.line("pulse 1,2,3,4,5,6,7,8,9,10,11,12,13,14,15,16;fore 3;back 3;delay 2;noise 4");
         int[] taps = {7, -11, 13, 17, -19, 23};
         for (int i = 0; i < 6; i++) x.set(i, taps[i]);
@@ -103,11 +111,15 @@ public final class RowsTest {
     }
 
     private static void promise30Map() {
+        Check.holds(30, "MAP: of all PHASES and all v from - LEVEL to LEVEL: how many have an EYE of 64; the PHASE with most (of several the lowest); by how many it is that.");
         HuntedEye x = Check.line("pulse 10,30,30,5;fore 1;back 0;level 20");
         // EYE is 64 for v from -9 to 10, from -20 (of -29) to 20 (of 30), the same, from -4 to 5
         Check.due("30 how many", x.map(0), 20 + 41 + 41 + 10);
         Check.due("30 the lowest of several", x.map(1), 1);
         Check.due("30 by how many", x.map(2), 41);
+        Check.holds(30, "MAP: 0 how many, 1 the PHASE, 2 by how many. NONE: no LINE, no such what.");
+        int[] due = {112, 1, 41};
+        for (int what = 0; what < 3; what++) Check.due("30 what " + what, x.map(what), due[what]);
         x.set(0, -64);
         Check.due("30 none", x.map(0), 0);
         Check.due("30 none: the lowest", x.map(1), 0);
@@ -122,6 +134,7 @@ public final class RowsTest {
     }
 
     private static void promise31Bears() {
+        Check.holds(31, "BEARS, a PHASE: the greatest N (0 .. 99) so that with a noise of -N .. N, whatever it is, in each SAMPLE all 64 ROWS are right by 1 for Z of 0 and more (NONE: not even with 0).");
         HuntedEye x = Check.line(LATE);
         Check.due("31 below LOW's size", x.bears(0), 19);
         x.set(1, 64);
@@ -143,6 +156,7 @@ public final class RowsTest {
     }
 
     private static void promise32Burst() {
+        Check.holds(32, "SYMBOLS follow (each with a bit 0 or 1), each KEPT its DECISION, until none of the newest as many as there are BACK TAPS is WRONG");
         HuntedEye x = Check.line("pulse 20,0,0,0,10;fore 1;back 1");
         x.set(1, 10);
         // behind a WRONG one Z is 1280 s0 + 1280 s1: WRONG for s0 -1, s1 1 alone
@@ -152,6 +166,10 @@ public final class RowsTest {
         Check.due("32 behind 1", x.burst(1, 1), 2);
         Check.due("32 older bits count for nothing here", x.burst(62, 0), 1);
         Check.due("32 older bits count for nothing here", x.burst(63, 1), 2);
+        Check.holds(32, "BURST from a ROW: 0 how many follow, 1 how many are WRONG. NONE: no LINE, no such ones. HIDDEN: without end.");
+        HuntedEye two = Check.line("pulse 20;fore 1;back 2");
+        Check.due("32 two follow", two.burst(0, 0), 2);
+        Check.due("32 one is wrong", two.burst(0, 1), 1);
         Check.due("32 no such row", x.burst(64, 0), -1);
         Check.due("32 no such row", x.burst(-1, 0), -1);
         Check.due("32 no such what", x.burst(0, 2), -1);
@@ -170,6 +188,7 @@ public final class RowsTest {
     }
 
     private static void promise32BurstOfTwo() {
+        Check.holds(32, "until none of the newest as many as there are BACK TAPS is WRONG");
         HuntedEye x = Check.line("pulse 20;fore 1;back 2");
         // right whatever was KEPT: two right ones follow
         Check.due("32 two follow", x.burst(9, 0), 2);
@@ -181,6 +200,7 @@ public final class RowsTest {
     }
 
     private static void promise32BurstByEitherBit() {
+        Check.holds(32, "each with a bit 0 or 1");
         HuntedEye x = Check.line("pulse -9,0,0,0,20,0,0,0,6;delay 1;fore 1;back 1");
         x.set(1, 6);
         // behind a WRONG one Z is 64 times -9 s0 + 20 s1 + 12 s2: WRONG for s0 and s1 the same, s2 not
@@ -193,6 +213,7 @@ public final class RowsTest {
     }
 
     private static void promise33Bursts() {
+        Check.holds(33, "BURSTS: the ROW from which most follow (of several the lowest; any without end is most).");
         HuntedEye x = Check.line("pulse 20,0,0,0,10;fore 1;back 1");
         Check.due("33 all the same: the lowest", x.bursts(), 0);
         x.set(1, 10);
@@ -206,6 +227,7 @@ public final class RowsTest {
     }
 
     private static void promise34Unrolled() {
+        Check.holds(34, "UNROLLED: at the latest SYMBOL (as it was then, ahead of what it LEARNT) for each row of bits of earlier KEPT ones (bit j - 1: KEPT j SYMBOLS ago is 1; else -1; as many as BACK TAPS): Z there.");
         HuntedEye x = Check.line("pulse 20;fore 1;back 3;word 1");
         Check.due("34 no symbol yet", x.unrolled(0), HIDDEN);
         x.set(1, 1);
@@ -216,6 +238,8 @@ public final class RowsTest {
             int back = ((row & 1) != 0 ? 1 : -1) + ((row & 2) != 0 ? 2 : -2) + ((row & 4) != 0 ? 4 : -4);
             Check.due("34 row " + row, x.unrolled(row), 1280 - 64 * back);
         }
+        Check.holds(34, "UNROLLED for a row of bits: Z. HIDDEN: no SYMBOL yet, no such row.");
+        Check.due("34 bits 1, 0, 1", x.unrolled(5), 1280 - 64 * (1 - 2 + 4));
         Check.due("34 ahead of what it learnt", Check.tap(x, 0, 0), 65);
         x.set(1, 200);
         Check.due("34 as it was then", x.unrolled(7), 1280 - 64 * 7);
@@ -231,9 +255,11 @@ public final class RowsTest {
     }
 
     private static void promise35Improved() {
+        Check.holds(35, "IMPROVED, a TAP: which value, not more than 31 from what it is (-255 .. 255), gives the greatest HEIGHT at the PHASE as now (of several the least); that HEIGHT.");
         HuntedEye x = Check.line("pulse 20,0,0,0,10;fore 1;back 1");
         Check.due("35 the back tap that takes it off", x.improved(1, 0), 10);
         Check.due("35 its height", x.improved(1, 1), 2560);
+        Check.holds(35, "IMPROVED: 0 the value, 1 the HEIGHT. HIDDEN: no such ones.");
         Check.due("35 31 more", x.improved(0, 0), 95);
         Check.due("35 its height", x.improved(0, 1), 2 * 10 * 95);
         x.set(0, 250);

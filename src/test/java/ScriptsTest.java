@@ -10,6 +10,7 @@ public final class ScriptsTest {
     }
 
     private static void promise25And26AllSteps() {
+        Check.holds(25, "RUN of a SCRIPT: behind how many STEPS the first is that can't be; how many were WRONG in it.");
         HuntedEye x = Check.line("pulse 20,40;word 0;fore 1;back 0;level 20");
         int script = Check.script(x, "send 3;drop;send 1;tap 0,-64;send 2;noise 2;train 7;hold 1;phase 0");
         // wrong: the dropped one (Z 0, bit 0) and the two by the tap below 0
@@ -44,6 +45,7 @@ public final class ScriptsTest {
     }
 
     private static void promise25EachStepThatCannotBe() {
+        Check.holds(25, "behind how many STEPS the first is that can't be");
         refused("", "phase 0");
         refused("phase 2", "phase 2");
         refused("", "hold 0");
@@ -60,6 +62,7 @@ public final class ScriptsTest {
     }
 
     private static void promise25LastT() {
+        Check.holds(25, "SYMBOLS go on behind 9,999, but not in RUN");
         HuntedEye x = Check.line("pulse 20;fore 1;back 0;level 20;word 1");
         for (int i = 0; i < 166; i++) x.send(60);
         int script = Check.script(x, "send 30;send 9;send 1");
@@ -73,6 +76,7 @@ public final class ScriptsTest {
     }
 
     private static void promise25NoSuch() {
+        Check.holds(25, "RUN: behind how many (0; NONE: all can be), WRONG (1). HIDDEN: no such ones, no LINE.");
         HuntedEye x = new HuntedEye();
         Check.script(x, "drop");
         Check.due("25 no line", x.run(0, 0), HuntedEye.HIDDEN);
@@ -88,6 +92,7 @@ public final class ScriptsTest {
     }
 
     private static void promise26IsDoneUpToThere() {
+        Check.holds(26, "DO: its STEPS as ACTS, up to there (no STATUS).");
         HuntedEye x = Check.line("pulse 20;fore 1;back 0;level 20;word 1");
         int script = Check.script(x, "send 1;hold 0;send 5");
         Check.due("26 up to there", x.perform(script), 1);

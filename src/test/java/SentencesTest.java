@@ -8,15 +8,14 @@ import java.util.regex.Pattern;
 import java.util.stream.Stream;
 
 /**
- * The words that the tests say they hold (Check.edge) stand in the document, and no boundary case that it names is left
- * out. The document is told by -Ddoc=.., the tests by -Dtests=.. (as .ci/run does).
+ * The words that the tests say they hold (Check.holds) stand in the document, and no word of it is left out. The
+ * document is told by -Ddoc=.., the tests by -Dtests=.. (as .ci/run does).
  */
 public final class SentencesTest {
-    /** What a sentence that names a boundary case has in it. */
-    private static final Pattern NAMED = Pattern.compile("NONE|HIDDEN|False|NoSuchElementException: |-2:| \\.\\. | at most|of several|of equal|beyond"
-        + "|no such|no LINE|No LINE|ahead of the first|MISSING|refused|too early|going round|or more|and more|at first|up to|without sign|too many"
-        + "|13th|empty|first n bytes|more than|above 0|below 0|below how many|modulo|rounded down|none is asked|any without end|as many as"
-        + "|whatever|go on behind|it is so|the latest 40|the latest 60|instead of|either|in a row|is that or more|smaller in size");
+    /** Headings, the face of each promise (FaceTest holds it), and what leaves all answers free. */
+    private static final Pattern NOTHING_TO_HOLD = Pattern.compile("==== [1-4]\\.|## [A-Za-z ]+(?= A )|## Promise \\d+: [A-Za-z ]+ `[^`]*`:"
+        + "|; what later calls answer is free\\.|The constants:");
+    private static final Pattern HELD = Pattern.compile("(?:\\.holds\\((\\d+), |[bB]ounds\\()\"([^\"]*)\"");
 
     private record Quote(int promise, String words) { }
 
@@ -28,15 +27,15 @@ public final class SentencesTest {
             String text = promised(Files.readString(Path.of(doc)));
             List<Quote> quotes = quotes(Path.of(tests));
             boolean[] held = held(text, quotes);
-            eachNamedIsHeld(text, held);
+            eachWordIsHeld(text, held);
             eachPromiseHasOne(quotes);
         }
         Check.finish();
     }
 
-    /** The document without its first words, the face and what is not promised, each blank alone. */
+    /** The document without the block of its face and what is not promised, each blank alone. */
     private static String promised(String doc) {
-        int start = doc.indexOf("==== 1.");
+        int start = doc.indexOf("## What it is");
         int face = doc.indexOf("## The public face");
         int terms = doc.indexOf("## Terms");
         int not = doc.indexOf("## Not promised");
@@ -46,10 +45,9 @@ public final class SentencesTest {
 
     private static List<Quote> quotes(Path tests) throws IOException {
         List<Quote> quotes = new ArrayList<>();
-        Pattern edge = Pattern.compile("(?:\\.edge\\((\\d+), |[bB]ounds\\()\"([^\"]*)\"");
         try (Stream<Path> files = Files.list(tests)) {
-            for (Path file : files.filter(f -> f.toString().endsWith("EdgesTest.java")).sorted().toList()) {
-                Matcher m = edge.matcher(Files.readString(file));
+            for (Path file : files.filter(f -> f.toString().endsWith("Test.java")).sorted().toList()) {
+                Matcher m = HELD.matcher(Files.readString(file));
                 while (m.find()) quotes.add(new Quote(m.group(1) == null ? 4 : Integer.parseInt(m.group(1)), m.group(2)));
             }
         }
@@ -76,20 +74,26 @@ public final class SentencesTest {
         return held;
     }
 
-    private static void eachNamedIsHeld(String text, boolean[] held) {
-        Matcher m = NAMED.matcher(text);
-        while (m.find()) {
-            boolean all = true;
-            for (int i = m.start(); i < m.end(); i++) all &= held[i];
-            String around = text.substring(Math.max(0, m.start() - 60), Math.min(text.length(), m.end() + 40));
-            Check.due("a test says that it holds '" + m.group() + "' in '" + around + "'", all, true);
+    private static void eachWordIsHeld(String text, boolean[] held) {
+        Matcher free = NOTHING_TO_HOLD.matcher(text);
+        while (free.find()) {
+            for (int i = free.start(); i < free.end(); i++) held[i] = true;
+        }
+        int start = 0;
+        for (int i = 1; i <= text.length(); i++) {
+            if (i == text.length() || held[i] != held[start]) {
+                String part = text.substring(start, i);
+                boolean tells = part.matches(".*[A-Za-z0-9].*");
+                Check.due("a test says that it holds '" + part + "'", held[start] || !tells, true);
+                start = i;
+            }
         }
     }
 
     private static void eachPromiseHasOne(List<Quote> quotes) {
         for (int promise = 1; promise <= 44; promise++) {
             int number = promise;
-            Check.due("a boundary case of promise " + promise, quotes.stream().anyMatch(q -> q.promise() == number), true);
+            Check.due("a test of promise " + promise, quotes.stream().anyMatch(q -> q.promise() == number), true);
         }
     }
 }

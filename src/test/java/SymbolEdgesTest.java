@@ -47,7 +47,7 @@ public final class SymbolEdgesTest {
     }
 
     private static void tapsAtFirst() {
-        Check.edge(8, "TAP 0 is 64 at first, all others 0; each has VOTES (0 at first), so have LEVEL and PHASE");
+        Check.holds(8, "TAP 0 is 64 at first, all others 0; each has VOTES (0 at first), so have LEVEL and PHASE");
         HuntedEye x = Check.line("pulse 30;fore 3;back 3");
         for (int i = 0; i < 6; i++) {
             Check.due("TAP " + i, Check.tap(x, i, 0), i == 0 ? 64 : 0);
@@ -55,7 +55,7 @@ public final class SymbolEdgesTest {
         }
         Check.due("VOTES of LEVEL", x.now(17), 0);
         Check.due("VOTES of PHASE", x.now(18), 0);
-        Check.edge(8, "TAPS are numbered: FORE ones (fore), then BACK ones (back)");
+        Check.holds(8, "TAPS are numbered: FORE ones (fore), then BACK ones (back)");
         HuntedEye y = Check.line("pulse 30;fore 2;back 1;gear 9;word 1");
         y.send(3);
         int[] votes = {3, 2, -2};
@@ -63,7 +63,7 @@ public final class SymbolEdgesTest {
     }
 
     private static void nowAtFirst() {
-        Check.edge(9, "At first the PHASE is 0, it is not HELD, not DARK, T is 0, LEVEL, TRAIN and NOISE are as told, the REGISTER is seed");
+        Check.holds(9, "At first the PHASE is 0, it is not HELD, not DARK, T is 0, LEVEL, TRAIN and NOISE are as told, the REGISTER is seed");
         HuntedEye x = Check.line("pulse 30;level 77;train 66;noise 3;seed 55");
         int[] due = {0, 0, 0, 0, 3, 66, 55, 0, 0, 0, 0, 0, 0, 0, 0, 0, 77, 0, 0};
         for (int what = 0; what < 19; what++) Check.due("now " + what, x.now(what), due[what]);
@@ -79,7 +79,7 @@ public final class SymbolEdgesTest {
     }
 
     private static void tapNoSuch() {
-        Check.edge(8, "NoSuchElementException: no such ones.");
+        Check.holds(8, "NoSuchElementException: no such ones.");
         Check.due("no LINE", throwsNoSuch(new HuntedEye(), 0, 0), true);
         HuntedEye x = Check.line("pulse 30;fore 1;back 0");
         Check.due("the only TAP", throwsNoSuch(x, 0, 0), false);
@@ -100,7 +100,7 @@ public final class SymbolEdgesTest {
     }
 
     private static void nowNoSuch() {
-        Check.edge(9, "HIDDEN: no LINE, no such what.");
+        Check.holds(9, "HIDDEN: no LINE, no such what.");
         HuntedEye x = new HuntedEye();
         for (int what = -1; what <= 19; what++) Check.due("no LINE " + what, x.now(what), HIDDEN);
         Check.retell(x, STILL);
@@ -111,7 +111,7 @@ public final class SymbolEdgesTest {
     }
 
     private static void ago() {
-        Check.edge(10, "0 the latest; up to 5, KEPT and the SAMPLE up to 2; 0 ahead of the first");
+        Check.holds(10, "0 the latest; up to 5, KEPT and the SAMPLE up to 2; 0 ahead of the first");
         HuntedEye x = Check.line("pulse 20;fore 1;back 0;level 20;word 1,0,0,1,1,1,0,1");
         int[] bits = {1, -1, -1, 1, 1, 1, -1, 1};
         for (int sent = 0; sent <= 8; sent++) {
@@ -120,13 +120,13 @@ public final class SymbolEdgesTest {
             for (int i = 0; i < 3; i++) Check.due("the SAMPLE", x.ago(2, i), i < sent ? 20 * bits[sent - 1 - i] : 0);
             x.send(1);
         }
-        Check.edge(10, "the SAMPLE (2; 0 for MISSING)");
+        Check.holds(10, "the SAMPLE (2; 0 for MISSING)");
         x.drop();
         x.send(1);
         Check.due("MISSING", x.ago(2, 0), 0);
         x.send(2);
         Check.due("MISSING two ago", x.ago(2, 2), 0);
-        Check.edge(10, "HIDDEN: no LINE, no such ones.");
+        Check.holds(10, "HIDDEN: no LINE, no such ones.");
         int[] beyond = {6, 3, 3};
         for (int what = 0; what < 3; what++) {
             Check.due("no LINE", new HuntedEye().ago(what, 0), HIDDEN);
@@ -140,7 +140,7 @@ public final class SymbolEdgesTest {
     }
 
     private static void bitOfWord() {
-        Check.edge(12, "with a word number T modulo how many it has");
+        Check.holds(12, "with a word number T modulo how many it has");
         String[] words = {"1", "0", "0,1", "1,0,0", "1,0,0,0,0,0,0,0,0,0,0,0,0,0,0,1"};
         for (String word : words) {
             HuntedEye x = Check.line("pulse 20;word " + word);
@@ -154,7 +154,7 @@ public final class SymbolEdgesTest {
     }
 
     private static void bitOfRegister() {
-        Check.edge(12, "its bit 6 being the exclusive or of its bits 0 and 1 as they were");
+        Check.holds(12, "its bit 6 being the exclusive or of its bits 0 and 1 as they were");
         // bits 1 and 0: 1; 1 and 1: 0; 0 and 1: 1; 0 and 0: 0
         int[] seeds = {1, 127, 2, 64, 3};
         int[] then = {64, 63, 65, 32, 1};
@@ -176,7 +176,7 @@ public final class SymbolEdgesTest {
     }
 
     private static void sampleByPulse() {
-        Check.edge(12, "of all k from 0 with 4 k and PHASE below how many numbers pulse has");
+        Check.holds(12, "of all k from 0 with 4 k and PHASE below how many numbers pulse has");
         StringBuilder pulse = new StringBuilder("pulse 1");
         for (int n = 1; n <= 16; n++) {
             if (n > 1) pulse.append(',').append(n);
@@ -189,7 +189,7 @@ public final class SymbolEdgesTest {
                 Check.due(n + " numbers at PHASE " + phase, x.log(0, 0), due);
             }
         }
-        Check.edge(12, "times SENT k SYMBOLS ago (ahead of the first SYMBOL 0)");
+        Check.holds(12, "times SENT k SYMBOLS ago (ahead of the first SYMBOL 0)");
         HuntedEye y = Check.line("pulse 1,0,0,0,2,0,0,0,4,0,0,0,8;fore 1;back 0;word 1");
         int[] due = {1, 3, 7, 15, 15};
         for (int sample : due) {
@@ -208,7 +208,7 @@ public final class SymbolEdgesTest {
     }
 
     private static void noise() {
-        Check.edge(12, "by NOISE above 0 a draw of twice NOISE and 1, less NOISE");
+        Check.holds(12, "by NOISE above 0 a draw of twice NOISE and 1, less NOISE");
         for (int noise = 1; noise <= 4; noise++) {
             HuntedEye x = Check.line("pulse 20;fore 1;back 0;word 1;noise " + noise);
             BigInteger at = BigInteger.ZERO;
@@ -245,21 +245,21 @@ public final class SymbolEdgesTest {
     }
 
     private static void drawsGoRound() {
-        Check.edge(12, "64 bits, going round");
+        Check.holds(12, "64 bits, going round");
         for (long first : new long[] {2, 3, 4, 1L << 32, 1L << 33, 1L << 62, Long.MAX_VALUE}) drawsBehind(first);
-        Check.edge(12, "that shifted right by 33, without sign) modulo j");
+        Check.holds(12, "that shifted right by 33, without sign) modulo j");
         for (long first : new long[] {0, 1, -1, -(1L << 33), Long.MIN_VALUE}) drawsBehind(first);
     }
 
     private static void missing() {
-        Check.edge(12, "By a DROP ahead it is MISSING (the draw is made).");
+        Check.holds(12, "By a DROP ahead it is MISSING (the draw is made).");
         HuntedEye x = Check.line("pulse 20;fore 1;back 0;word 1;noise 4");
         x.drop();
         x.send(1);
         Check.due("MISSING", x.log(0, 0), HIDDEN);
         x.send(1);
         Check.due("the second draw", x.log(0, 0), 16 + draw(turned(turned(BigInteger.ZERO)), 9));
-        Check.edge(12, "MISSING ones, those ahead of the first 0");
+        Check.holds(12, "MISSING ones, those ahead of the first 0");
         HuntedEye y = Check.line("pulse 20;fore 3;back 0;word 1");
         y.hold(1);
         y.set(0, 1);
@@ -274,7 +274,7 @@ public final class SymbolEdgesTest {
     }
 
     private static void decision() {
-        Check.edge(12, "The DECISION is 1 by Z of 0 and more, else -1.");
+        Check.holds(12, "The DECISION is 1 by Z of 0 and more, else -1.");
         int[] taps = {0, 1, -1};
         for (int tap : taps) {
             HuntedEye x = Check.line("pulse 1;fore 1;back 0;word 1;floor 0");
@@ -290,7 +290,7 @@ public final class SymbolEdgesTest {
     }
 
     private static void backTapsAtFirst() {
-        Check.edge(12, "less 64 times each BACK TAP j (from 1) times KEPT j SYMBOLS ago (ahead of the first 0)");
+        Check.holds(12, "less 64 times each BACK TAP j (from 1) times KEPT j SYMBOLS ago (ahead of the first 0)");
         HuntedEye x = Check.line("pulse 60;fore 1;back 3;word 1");
         x.hold(1);
         x.set(1, 1);
@@ -304,13 +304,13 @@ public final class SymbolEdgesTest {
     }
 
     private static void truth() {
-        Check.edge(12, "The TRUTH is SENT delay SYMBOLS ago (none ahead of the first one).");
+        Check.holds(12, "The TRUTH is SENT delay SYMBOLS ago (none ahead of the first one).");
         for (int delay = 0; delay <= 2; delay++) {
             HuntedEye x = Check.line("pulse -20;fore 1;back 0;word 1;delay " + delay);
             x.hold(1);
             for (int t = 0; t < 5; t++) Check.due("WRONG with delay " + delay + " at T " + t, x.send(1), t >= delay ? 1 : 0);
         }
-        Check.edge(12, "It is WRONG, if there is a TRUTH and the DECISION is not that.");
+        Check.holds(12, "It is WRONG, if there is a TRUTH and the DECISION is not that.");
         // SENT 1 -1 -1 1 1 1: DECISIONS are those; TRUTHS none, none, 1 -1 -1 1
         HuntedEye y = Check.line("pulse 20;fore 1;back 0;word 1,0,0,1,1,1;delay 2");
         y.hold(1);
@@ -319,7 +319,7 @@ public final class SymbolEdgesTest {
     }
 
     private static void training() {
-        Check.edge(12, "KEPT is the TRUTH, if TRAIN is above 0 and there is one, else the DECISION; TRAIN above 0 is one less.");
+        Check.holds(12, "KEPT is the TRUTH, if TRAIN is above 0 and there is one, else the DECISION; TRAIN above 0 is one less.");
         for (int train = 0; train <= 2; train++) {
             HuntedEye x = Check.line("pulse -20;fore 1;back 0;word 1;train " + train);
             x.hold(1);
@@ -350,7 +350,7 @@ public final class SymbolEdgesTest {
     }
 
     private static void quiet() {
-        Check.edge(9, "A SAMPLE that is MISSING or smaller in size than floor is QUIET");
+        Check.holds(9, "A SAMPLE that is MISSING or smaller in size than floor is QUIET");
         int[] floors = {0, 1, 4, 59, 60};
         for (int floor : floors) {
             for (int size = Math.max(0, floor - 1); size <= Math.min(60, floor + 1); size++) {
@@ -378,7 +378,7 @@ public final class SymbolEdgesTest {
     }
 
     private static void dark() {
-        Check.edge(9, "with the fourth QUIET one in a row it is DARK, with the fourth in a row that is not QUIET no longer");
+        Check.holds(9, "with the fourth QUIET one in a row it is DARK, with the fourth in a row that is not QUIET no longer");
         String[] heard = {"qqq", "qqqq", "qqqlqqq", "qqqlqqqq", "mmmm", "mqmq", "qqqqlll", "qqqqllll", "qqqqlllqlll", "qqqqlllmlll",
             "qqqqlllqllll", "llll", "qqqqllllqqq", "qqqqllllqqqq"};
         int[] isDark = {0, 1, 0, 1, 1, 1, 1, 0, 1, 1, 0, 0, 0, 1};
@@ -387,7 +387,7 @@ public final class SymbolEdgesTest {
             hear(x, heard[i]);
             Check.due(heard[i], x.now(3), isDark[i]);
         }
-        Check.edge(9, "8 how many QUIET in a row (4 at most), 9 how many that are not (4 at most)");
+        Check.holds(9, "8 how many QUIET in a row (4 at most), 9 how many that are not (4 at most)");
         HuntedEye x = Check.line("pulse 20,3;floor 4;word 1");
         for (int i = 1; i <= 6; i++) {
             hear(x, "q");
@@ -402,7 +402,7 @@ public final class SymbolEdgesTest {
     }
 
     private static void learns() {
-        Check.edge(12, "It LEARNS, if it is not HELD, not DARK (by now), and the SAMPLE is not MISSING");
+        Check.holds(12, "It LEARNS, if it is not HELD, not DARK (by now), and the SAMPLE is not MISSING");
         HuntedEye x = Check.line("pulse 20,3;floor 4;word 1;fore 1;back 0;gear 9");
         String heard = "lqqqqqlllllml";
         // the fourth QUIET one is DARK by now, the fourth that is not QUIET is no longer
@@ -424,7 +424,7 @@ public final class SymbolEdgesTest {
     }
 
     private static void votesOfNothing() {
-        Check.edge(12, "0 for none, for MISSING, for 0");
+        Check.holds(12, "0 for none, for MISSING, for 0");
         HuntedEye x = Check.line("pulse 30;fore 3;back 0;gear 9;word 1");
         int[][] votes = {{1, 0, 0}, {2, 1, 0}, {3, 2, 1}, {3, 2, 1}, {4, 2, 2}, {5, 3, 2}};
         for (int t = 0; t < 6; t++) {
@@ -437,13 +437,13 @@ public final class SymbolEdgesTest {
         Check.due("LEARNT", flat.now(11), 5);
         Check.due("a SAMPLE of 0", Check.tap(flat, 0, 1), 0);
         Check.due("a SAMPLE of 0", Check.tap(flat, 1, 1), 0);
-        Check.edge(12, "of each BACK TAP j by KEPT j SYMBOLS ago (0 for none) times the sign of the ERROR");
+        Check.holds(12, "of each BACK TAP j by KEPT j SYMBOLS ago (0 for none) times the sign of the ERROR");
         HuntedEye y = Check.line("pulse 30;fore 1;back 3;gear 9;word 1");
         for (int t = 0; t < 4; t++) {
             y.send(1);
             for (int j = 1; j <= 3; j++) Check.due("VOTES of BACK TAP " + j + " at T " + t, Check.tap(y, j, 1), -Math.max(0, t - j + 1));
         }
-        Check.edge(12, "The ERROR is Z less 64 times LEVEL times KEPT.");
+        Check.holds(12, "The ERROR is Z less 64 times LEVEL times KEPT.");
         HuntedEye none = Check.line(STILL + ";track 1;gear 9");
         none.send(9);
         Check.due("LEARNT", none.now(11), 9);
@@ -452,7 +452,7 @@ public final class SymbolEdgesTest {
     }
 
     private static void gear() {
-        Check.edge(12, "VOTES whose size is gear or more then become 0, and the TAP, the LEVEL is one more by VOTES above 0, one less by those below 0");
+        Check.holds(12, "VOTES whose size is gear or more then become 0, and the TAP, the LEVEL is one more by VOTES above 0, one less by those below 0");
         for (int gear = 1; gear <= 9; gear++) {
             HuntedEye up = Check.line("pulse 10;fore 1;back 0;track 1;level 60;word 1;gear " + gear);
             HuntedEye down = Check.line("pulse 60;fore 1;back 0;track 1;level 5;word 1;gear " + gear);
@@ -475,7 +475,7 @@ public final class SymbolEdgesTest {
         both.send(1);
         Check.due("one for, one against", Check.tap(both, 0, 1), 0);
         Check.due("no move", Check.tap(both, 0, 0), 64);
-        Check.edge(12, "With track 1 VOTES of LEVEL grow by KEPT times the sign of the ERROR.");
+        Check.holds(12, "With track 1 VOTES of LEVEL grow by KEPT times the sign of the ERROR.");
         HuntedEye off = Check.line("pulse 60;fore 1;back 0;track 0;level 30;word 1");
         off.send(9);
         Check.due("with track 0 LEVEL stays", off.now(16), 30);
@@ -483,7 +483,7 @@ public final class SymbolEdgesTest {
     }
 
     private static void tapBounds() {
-        Check.edge(12, "not beyond -255 .. 255, LEVEL not beyond 1 .. 99");
+        Check.holds(12, "not beyond -255 .. 255, LEVEL not beyond 1 .. 99");
         HuntedEye up = Check.line("pulse 5;fore 1;back 0;level 99;word 1;gear 2");
         up.set(0, 254);
         int[] tap = {254, 255, 255, 255, 255};
@@ -517,7 +517,7 @@ public final class SymbolEdgesTest {
     }
 
     private static void levelBounds() {
-        Check.edge(12, "LEVEL not beyond 1 .. 99");
+        Check.holds(12, "LEVEL not beyond 1 .. 99");
         HuntedEye up = Check.line("pulse 60;fore 1;back 0;level 98;word 1;track 1;gear 2");
         up.set(0, 255);
         int[] level = {98, 99, 99, 99, 99};
@@ -536,14 +536,14 @@ public final class SymbolEdgesTest {
     }
 
     private static void lock() {
-        Check.edge(12, "With lock above 0 VOTES of PHASE grow by the sign of the ERROR times KEPT one SYMBOL ago");
+        Check.holds(12, "With lock above 0 VOTES of PHASE grow by the sign of the ERROR times KEPT one SYMBOL ago");
         HuntedEye off = Check.line(HUNT + "0");
         off.send(1);
         off.phase(1);
         off.send(1);
         Check.due("without lock no VOTES", off.now(18), 0);
         Check.due("and no move", off.now(1), 1);
-        Check.edge(12, "less the sign of the ERROR one SYMBOL ago (whether it LEARNT then or not) times KEPT (ahead of the first 0)");
+        Check.holds(12, "less the sign of the ERROR one SYMBOL ago (whether it LEARNT then or not) times KEPT (ahead of the first 0)");
         HuntedEye x = Check.line(HUNT + "9");
         x.send(1);
         Check.due("the first has none ahead of it", x.now(18), 0);
@@ -559,7 +559,7 @@ public final class SymbolEdgesTest {
             x.send(1);
             Check.due("VOTES of PHASE", x.now(18), votes[i]);
         }
-        Check.edge(12, "is their size lock or more, they become 0, and PHASE is one more by those above 0, one less by those below 0");
+        Check.holds(12, "is their size lock or more, they become 0, and PHASE is one more by those above 0, one less by those below 0");
         for (int lock = 1; lock <= 3; lock++) {
             HuntedEye up = Check.line(HUNT + lock);
             up.send(1);
@@ -578,7 +578,7 @@ public final class SymbolEdgesTest {
     }
 
     private static void lockAfterOnesNotLearnt() {
-        Check.edge(12, "whether it LEARNT then or not");
+        Check.holds(12, "whether it LEARNT then or not");
         HuntedEye held = Check.line(HUNT + "9");
         held.hold(1);
         held.send(1);
@@ -592,7 +592,7 @@ public final class SymbolEdgesTest {
         missing.phase(1);
         missing.send(1);
         Check.due("behind one that was MISSING", missing.now(18), 2);
-        Check.edge(12, "PHASE, HELD, a TAP (its VOTES become 0), NOISE, TRAIN are set");
+        Check.holds(12, "PHASE, HELD, a TAP (its VOTES become 0), NOISE, TRAIN are set");
         missing.phase(0);
         Check.due("VOTES of PHASE stay", missing.now(18), 2);
         missing.hold(1);
@@ -601,7 +601,7 @@ public final class SymbolEdgesTest {
     }
 
     private static void phaseBounds() {
-        Check.edge(12, "not beyond 0 .. 3");
+        Check.holds(12, "not beyond 0 .. 3");
         HuntedEye up = Check.line(HUNT + "2");
         up.phase(2);
         up.send(1);
@@ -636,21 +636,21 @@ public final class SymbolEdgesTest {
             HuntedEye x = Check.line("pulse 20;fore 1;back 2;word 1");
             x.hold(1);
             judge(x, judged[i]);
-            Check.edge(9, "A RUN begins with a WRONG SYMBOL, if none is open");
+            Check.holds(9, "A RUN begins with a WRONG SYMBOL, if none is open");
             Check.due("ended or open " + judged[i], x.now(12) + (x.now(14) > 0 ? 1 : 0), ended[i] + (open[i] > 0 ? 1 : 0));
-            Check.edge(9, "12 RUNS that ended, 13 the longest of these (0)");
+            Check.holds(9, "12 RUNS that ended, 13 the longest of these (0)");
             Check.due("ended " + judged[i], x.now(12), ended[i]);
-            Check.edge(9, "its length is from its first WRONG one to its last one");
+            Check.holds(9, "its length is from its first WRONG one to its last one");
             Check.due("longest " + judged[i], x.now(13), longest[i]);
-            Check.edge(9, "14 how long the open one is by now, to the latest SYMBOL (0: none)");
+            Check.holds(9, "14 how long the open one is by now, to the latest SYMBOL (0: none)");
             Check.due("open " + judged[i], x.now(14), open[i]);
-            Check.edge(9, "15 how many in a row not WRONG in it");
+            Check.holds(9, "15 how many in a row not WRONG in it");
             Check.due("right " + judged[i], x.now(15), right[i]);
         }
     }
 
     private static void runsOfBackTaps() {
-        Check.edge(9, "it ends with as many in a row that are not WRONG as there are BACK TAPS (1 with none)");
+        Check.holds(9, "it ends with as many in a row that are not WRONG as there are BACK TAPS (1 with none)");
         for (int back = 0; back <= 3; back++) {
             HuntedEye x = Check.line("pulse 20;fore 1;word 1;back " + back);
             x.hold(1);
@@ -668,13 +668,13 @@ public final class SymbolEdgesTest {
     }
 
     private static void sendRefused() {
-        Check.edge(12, "n SYMBOLS (1 .. 60) are SENT: how many of them were WRONG.");
+        Check.holds(12, "n SYMBOLS (1 .. 60) are SENT: how many of them were WRONG.");
         HuntedEye x = Check.line("pulse -20;fore 1;back 0;word 1;delay 2");
         x.hold(1);
         Check.due("one", x.send(1), 0);
         Check.due("sixty", x.send(60), 59);
         Check.due("T", x.now(0), 61);
-        Check.edge(12, "NONE: no LINE (STATUS 0), n (1), beyond 9,999 (3).");
+        Check.holds(12, "NONE: no LINE (STATUS 0), n (1), beyond 9,999 (3).");
         HuntedEye y = new HuntedEye();
         Check.due("no LINE", y.send(1), NONE);
         Check.due("no LINE is ahead of n", y.send(0), NONE);
@@ -692,7 +692,7 @@ public final class SymbolEdgesTest {
     }
 
     private static void lastT() {
-        Check.edge(12, "T is one more, 9,999 at most: no SYMBOL then.");
+        Check.holds(12, "T is one more, 9,999 at most: no SYMBOL then.");
         HuntedEye x = Check.line(STILL);
         Check.sendTo(x, 9940);
         Check.due("one too many", x.send(60), NONE);
@@ -713,7 +713,7 @@ public final class SymbolEdgesTest {
     }
 
     private static void log() {
-        Check.edge(23, "HIDDEN: no such ones.");
+        Check.holds(23, "HIDDEN: no such ones.");
         Check.due("no LINE", new HuntedEye().log(0, 0), HIDDEN);
         HuntedEye x = Check.line("pulse 20;fore 1;back 0;word 1;gear 9;floor 0");
         x.hold(1);
@@ -723,13 +723,13 @@ public final class SymbolEdgesTest {
             x.send(1);
             Check.due("how long", x.count(5), Math.min(t + 1, 60));
         }
-        Check.edge(23, "the latest 60");
+        Check.holds(23, "the latest 60");
         for (int i = 0; i < 60; i++) Check.due("Z of " + i, x.log(i, 1), 20 * (61 - i));
         Check.due("no 61st", x.log(60, 1), HIDDEN);
-        Check.edge(23, "The LOG, the latest (i 0), the one ahead of it (1)");
+        Check.holds(23, "The LOG, the latest (i 0), the one ahead of it (1)");
         Check.due("the latest", x.log(0, 1), 20 * 61);
         Check.due("the one ahead", x.log(1, 1), 20 * 60);
-        Check.edge(23, "0 the SAMPLE, 1 Z, 2 what was added up. HIDDEN: no such ones.");
+        Check.holds(23, "0 the SAMPLE, 1 Z, 2 what was added up. HIDDEN: no such ones.");
         Check.due("none behind the latest", x.log(-1, 0), HIDDEN);
         Check.due("no such what", x.log(0, 3), HIDDEN);
         Check.due("no such what", x.log(0, -1), HIDDEN);
@@ -737,7 +737,7 @@ public final class SymbolEdgesTest {
             Check.due("far", x.log(far, 0), HIDDEN);
             Check.due("far", x.log(0, far), HIDDEN);
         }
-        Check.edge(23, "of each SYMBOL the SAMPLE (HIDDEN for MISSING)");
+        Check.holds(23, "of each SYMBOL the SAMPLE (HIDDEN for MISSING)");
         x.drop();
         x.send(1);
         Check.due("MISSING", x.log(0, 0), HIDDEN);
@@ -747,7 +747,7 @@ public final class SymbolEdgesTest {
     }
 
     private static void logMarks() {
-        Check.edge(23, "1 bit SENT, 2 DECISION 1, 4 WRONG, 8 DARK (by then), 16 it LEARNT, 32 KEPT by TRAINING");
+        Check.holds(23, "1 bit SENT, 2 DECISION 1, 4 WRONG, 8 DARK (by then), 16 it LEARNT, 32 KEPT by TRAINING");
         HuntedEye none = Check.line("pulse 20;fore 1;back 0;word 0");
         none.hold(1);
         none.send(1);

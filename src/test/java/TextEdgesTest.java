@@ -45,7 +45,7 @@ public final class TextEdgesTest {
     }
 
     private static void newObject() {
-        Check.edge(1, "No LINE.");
+        Check.holds(1, "No LINE.");
         HuntedEye x = new HuntedEye();
         Check.due("count of TAPS", x.count(0), 0);
         Check.due("rule", x.rule(0), NONE);
@@ -61,14 +61,14 @@ public final class TextEdgesTest {
         Check.due("T", x.count(3), 0);
         Check.due("SCRIPTS", x.count(1), 0);
         Check.due("the TAPE", x.count(2), 0);
-        Check.edge(1, "`NONE = -1`: None; refused.");
+        Check.holds(1, "`NONE = -1`: None; refused.");
         Check.due("NONE", HuntedEye.NONE, -1);
-        Check.edge(1, "`HIDDEN = -1000000000`: Not told; no end.");
+        Check.holds(1, "`HIDDEN = -1000000000`: Not told; no end.");
         Check.due("HIDDEN", HuntedEye.HIDDEN, -1000000000);
     }
 
     private static void calls512() {
-        Check.edge(1, "An object is used for at most 512 calls after it has been made");
+        Check.holds(1, "An object is used for at most 512 calls after it has been made");
         HuntedEye x = new HuntedEye();
         int[] v = Check.fiveNumbers("pulse 20;level 20");
         x.feed(v[0], v[1], v[2], v[3], v[4]);
@@ -78,19 +78,19 @@ public final class TextEdgesTest {
     }
 
     private static void feedBytes() {
-        Check.edge(2, "Twenty bytes more come to the TAPE");
+        Check.holds(2, "Twenty bytes more come to the TAPE");
         HuntedEye x = new HuntedEye();
         int full = 0x61626364;
         Check.due("twenty", x.feed(full, full, full, full, full), 20);
         Check.due("twenty more", x.feed(full, full, full, full, full), 40);
-        Check.edge(2, "of each number the highest first");
+        Check.holds(2, "of each number the highest first");
         HuntedEye y = new HuntedEye();
         y.feed(0x70756c73, 0x65203132, 0x2c33342c, 0x2d35362c, 0x37203b20);
         y.feed(0x666f7265, 0x20330000, 0, 0, 0);
         Check.due("its TAPS", y.text(0), 5);
         int[] pulse = {12, 34, -56, 7};
         for (int i = 0; i < 4; i++) Check.due("pulse " + i, y.told(0, i), pulse[i]);
-        Check.edge(2, "bytes of 0 are left out");
+        Check.holds(2, "bytes of 0 are left out");
         HuntedEye z = new HuntedEye();
         Check.due("nothing but 0", z.feed(0, 0, 0, 0, 0), 0);
         Check.due("one byte in each number", z.feed(0x70000000, 0x00750000, 0x00006c00, 0x00000073, 0x65000000), 5);
@@ -102,7 +102,7 @@ public final class TextEdgesTest {
     }
 
     private static void feedFull() {
-        Check.edge(2, "NONE: more than 240.");
+        Check.holds(2, "NONE: more than 240.");
         HuntedEye x = new HuntedEye();
         int full = 0x61616161;
         for (int i = 1; i <= 12; i++) Check.due("feed", x.feed(full, full, full, full, full), 20 * i);
@@ -118,7 +118,7 @@ public final class TextEdgesTest {
     }
 
     private static void endOfTape() {
-        Check.edge(3, "The TAPE has its first n bytes alone.");
+        Check.holds(3, "The TAPE has its first n bytes alone.");
         HuntedEye x = new HuntedEye();
         Check.due("an empty one", x.end(0), true);
         Check.type(x, "pulse 12");
@@ -132,7 +132,7 @@ public final class TextEdgesTest {
         Check.type(x, "pulse 12");
         Check.due("none", x.end(0), true);
         Check.due("empty", x.count(2), 0);
-        Check.edge(3, "False: n.");
+        Check.holds(3, "False: n.");
         HuntedEye y = new HuntedEye();
         Check.due("1 of 0", y.end(1), false);
         Check.due("-1 of 0", y.end(-1), false);
@@ -148,7 +148,7 @@ public final class TextEdgesTest {
     private static void wordsOfLines() {
         String[] clauses = {"pulse 1", "fore 1", "back 1", "delay 1", "level 1", "gear 1", "floor 1", "noise 1", "train 1", "seed 1",
             "track 1", "lock 1", "word 1"};
-        Check.edge(4, "every WORD once at most, in any order");
+        Check.holds(4, "every WORD once at most, in any order");
         for (int first = 0; first < 13; first++) {
             StringBuilder all = new StringBuilder(clauses[first]);
             for (int i = 1; i < 13; i++) all.append(';').append(clauses[(first + 5 * i) % 13]);
@@ -156,7 +156,7 @@ public final class TextEdgesTest {
             for (String again : clauses) line(all + ";" + again, all.length() + 1);
         }
         for (String one : clauses) line("pulse 1;" + one + ";" + one, one.equals("pulse 1") ? 8 : 9 + one.length());
-        Check.edge(4, "pulse (1 to 16 numbers, -60 .. 60; it must be there)");
+        Check.holds(4, "pulse (1 to 16 numbers, -60 .. 60; it must be there)");
         line("pulse", 5);
         line("pulse;fore 1", 5);
         for (int n = 1; n <= 16; n++) line("pulse " + repeated("-60", ",", n), NONE);
@@ -165,7 +165,7 @@ public final class TextEdgesTest {
         line("pulse 61", 6);
         line("pulse 60,-60,61", 13);
         line("fore 1", 6);
-        Check.edge(4, "word (1 to 16 numbers, 0 or 1; none)");
+        Check.holds(4, "word (1 to 16 numbers, 0 or 1; none)");
         line("pulse 1;word", 12);
         for (int n = 1; n <= 16; n++) line("pulse 1;word " + repeated(n % 2 == 0 ? "1" : "0", ",", n), NONE);
         line("pulse 1;word " + repeated("1", ",", 17), 13 + 31);
@@ -175,7 +175,7 @@ public final class TextEdgesTest {
     }
 
     private static void bounds(String words, String word, int low, int high, int usual, int what) {
-        Check.edge(4, words);
+        Check.holds(4, words);
         String start = "pulse 1;" + word + " ";
         line(start + (low - 1), start.length());
         line(start + low, NONE);
@@ -203,7 +203,7 @@ public final class TextEdgesTest {
     }
 
     private static void stepBounds(String words, String word, int low, int high) {
-        Check.edge(4, words);
+        Check.holds(4, words);
         int at = word.length() + 1;
         script(word + " " + (low - 1), at);
         script(word + " " + low, NONE);
@@ -220,7 +220,7 @@ public final class TextEdgesTest {
         stepBounds("hold (0, 1)", "hold", 0, 1);
         stepBounds("drop (none), noise (0 .. 4)", "noise", 0, 4);
         stepBounds("train (0 .. 99), seek (none)", "train", 0, 99);
-        Check.edge(4, "tap (two: 0 .. 5, -255 .. 255)");
+        Check.holds(4, "tap (two: 0 .. 5, -255 .. 255)");
         script("tap", 3);
         script("tap -1,0", 4);
         script("tap 0,0", NONE);
@@ -235,12 +235,12 @@ public final class TextEdgesTest {
         script("tap 0 0", 6);
         script("tap 0,", 6);
         script("tap 0,0,0", 7);
-        Check.edge(4, "drop (none)");
+        Check.holds(4, "drop (none)");
         script("drop", NONE);
         script("drop 0", 5);
         script("drop,", 4);
         script("drop,0", 4);
-        Check.edge(4, "seek (none)");
+        Check.holds(4, "seek (none)");
         script("seek", NONE);
         script("seek 0", 5);
         script("seek-0", 4);
@@ -248,21 +248,21 @@ public final class TextEdgesTest {
     }
 
     private static void howManySteps() {
-        Check.edge(4, "STEPS with ; between, 1 to 12");
+        Check.holds(4, "STEPS with ; between, 1 to 12");
         script("", 0);
         for (int n = 1; n <= 12; n++) script(repeated("seek", ";", n), NONE);
-        Check.edge(4, "the ; ahead of a 13th STEP");
+        Check.holds(4, "the ; ahead of a 13th STEP");
         script(repeated("seek", ";", 13), 12 * 5 - 1);
         script(repeated("seek", ";", 12) + " ;seek", 12 * 5);
         script(repeated("tap 0,0", ";", 13), 12 * 8 - 1);
         script(repeated("seek", ";", 12) + ";x", 12 * 5 - 1);
-        Check.edge(4, "What a STEP tells that can't be is no FAULT.");
+        Check.holds(4, "What a STEP tells that can't be is no FAULT.");
         HuntedEye x = Check.line("pulse 1;fore 1;back 0");
         Check.due("no such TAP, it is so twice", Check.script(x, "tap 5,1;hold 0;phase 0;drop;drop;noise 0"), 0);
     }
 
     private static void lettersAndDigits() {
-        Check.edge(4, "A WORD is letters (a to z), as many as stand one behind another");
+        Check.holds(4, "A WORD is letters (a to z), as many as stand one behind another");
         line("pulse1", NONE);
         line("pulse-1", NONE);
         line("pulsefore 1", 0);
@@ -279,7 +279,7 @@ public final class TextEdgesTest {
         script("xeek", 0);
         script("see", 0);
         script("dropseek", 0);
-        Check.edge(4, "a number is digits, as many as stand one behind another");
+        Check.holds(4, "a number is digits, as many as stand one behind another");
         line("pulse 60", NONE);
         line("pulse 6/", 7);
         line("pulse 6:", 7);
@@ -290,7 +290,7 @@ public final class TextEdgesTest {
         line("pulse 4294967296", 6);
         line("pulse -4294967297", 6);
         line("pulse 18446744073709551617", 6);
-        Check.edge(4, "with a - right ahead of them or without");
+        Check.holds(4, "with a - right ahead of them or without");
         line("pulse -60", NONE);
         line("pulse -0", NONE);
         line("pulse - 60", 6);
@@ -298,7 +298,7 @@ public final class TextEdgesTest {
         line("pulse 6-0", 7);
         line("pulse 1;fore -0", 13);
         line("pulse 1;back -0", NONE);
-        Check.edge(4, "it goes by what it is worth: 007 is 7");
+        Check.holds(4, "it goes by what it is worth: 007 is 7");
         line("pulse 007", NONE);
         Check.due("007", Check.line("pulse 007").told(0, 0), 7);
         Check.due("-007", Check.line("pulse -007").told(0, 0), -7);
@@ -308,7 +308,7 @@ public final class TextEdgesTest {
     }
 
     private static void blanks() {
-        Check.edge(4, "Blanks (32) may stand ahead of and behind all these, and ; and ,");
+        Check.holds(4, "Blanks (32) may stand ahead of and behind all these, and ; and ,");
         line("  pulse  1  ,  -2  ;  fore  1  ", NONE);
         script("  send  1  ;  tap  1  ,  -2  ;  drop  ", NONE);
         line("\tpulse 1", 0);
@@ -321,7 +321,7 @@ public final class TextEdgesTest {
     }
 
     private static void endsTooEarly() {
-        Check.edge(4, "the length, if the TEXT ends too early, or is a LINE without pulse");
+        Check.holds(4, "the length, if the TEXT ends too early, or is a LINE without pulse");
         line("", 0);
         line("  ", 2);
         line("pulse", 5);
@@ -350,14 +350,14 @@ public final class TextEdgesTest {
     }
 
     private static void wordsThatCannotBe() {
-        Check.edge(4, "where the first part begins that can't be");
+        Check.holds(4, "where the first part begins that can't be");
         line("pulse 61;x", 6);
         line("x;pulse 61", 0);
         line("  x", 2);
         line("fore 4;pulse 61", 5);
         line("pulse 1;pulse 61", 8);
         script("send 1;  x;send 61", 9);
-        Check.edge(4, "a WORD that is none of these, or was there in a LINE");
+        Check.holds(4, "a WORD that is none of these, or was there in a LINE");
         line("send 1", 0);
         line("pulse 1;drop", 8);
         line("pulse 1; puls 1", 9);
@@ -369,13 +369,13 @@ public final class TextEdgesTest {
     }
 
     private static void numbersThatCannotBe() {
-        Check.edge(4, "a number out of bounds");
+        Check.holds(4, "a number out of bounds");
         line("pulse 1,61", 8);
         line("pulse 1 ,  -61 ,1", 11);
         line("pulse 1;fore 4x", 13);
         script("tap 6,256", 4);
         script("tap 5,256", 6);
-        Check.edge(4, "a - without a digit right behind");
+        Check.holds(4, "a - without a digit right behind");
         line("pulse -", 6);
         line("pulse 1,-", 8);
         line("pulse - 1", 6);
@@ -388,7 +388,7 @@ public final class TextEdgesTest {
     }
 
     private static void numbersTooMany() {
-        Check.edge(4, "a , ahead of one number too many");
+        Check.holds(4, "a , ahead of one number too many");
         line("pulse 1;fore 1,1", 14);
         line("pulse 1;fore 1 ,1", 15);
         line("pulse " + repeated("1", ",", 17), 6 + 31);
@@ -402,7 +402,7 @@ public final class TextEdgesTest {
     }
 
     private static void partsThatCannotBe() {
-        Check.edge(4, "another part than a number where one must be");
+        Check.holds(4, "another part than a number where one must be");
         line("pulse ;", 6);
         line("pulse ,1", 6);
         line("pulse fore 1", 6);
@@ -417,7 +417,7 @@ public final class TextEdgesTest {
         script("tap 1;x", 5);
         script("tap ,1", 4);
         script("tap 1,;", 6);
-        Check.edge(4, "any other byte");
+        Check.holds(4, "any other byte");
         for (int one = 1; one < 256; one++) {
             boolean known = one == ' ' || one == ';' || one == ',' || one == '-' || one >= '0' && one <= '9' || one >= 'a' && one <= 'z';
             if (!known) {
@@ -436,7 +436,7 @@ public final class TextEdgesTest {
     }
 
     private static void fault() {
-        Check.edge(4, "NONE: none.");
+        Check.holds(4, "NONE: none.");
         HuntedEye x = new HuntedEye();
         Check.type(x, "pulse 1");
         Check.due("a LINE", x.fault(0), NONE);
@@ -445,14 +445,14 @@ public final class TextEdgesTest {
         Check.due("a SCRIPT", x.fault(1), NONE);
         Check.due("no LINE", x.fault(0), 0);
         Check.due("the TAPE stays", x.count(2), 4);
-        Check.edge(4, "-2: no such sort.");
+        Check.holds(4, "-2: no such sort.");
         Check.due("2", x.fault(2), -2);
         Check.due("-1", x.fault(-1), -2);
         for (int far : FAR) Check.due("far", x.fault(far), -2);
     }
 
     private static void text() {
-        Check.edge(5, "The TAPE (empty then) is the LINE");
+        Check.holds(5, "The TAPE (empty then) is the LINE");
         HuntedEye x = new HuntedEye();
         for (int fore = 1; fore <= 3; fore++) {
             for (int back = 0; back <= 3; back++) {
@@ -462,17 +462,17 @@ public final class TextEdgesTest {
             }
         }
         Check.due("an empty TAPE is no LINE", x.text(0), NONE);
-        Check.edge(5, "a SCRIPT: its number");
+        Check.holds(5, "a SCRIPT: its number");
         for (int i = 0; i < 4; i++) {
             Check.due("its number", Check.script(x, "send " + (50 + i)), i);
             Check.due("an empty TAPE", x.count(2), 0);
         }
-        Check.edge(5, "SCRIPTS (4 at most) are TEXTS");
+        Check.holds(5, "SCRIPTS (4 at most) are TEXTS");
         Check.due("four", x.count(1), 4);
         Check.due("a fifth", Check.script(x, "send 1"), NONE);
         Check.due("still four", x.count(1), 4);
         Check.due("the fourth", x.step(3, 0, 1), 53);
-        Check.edge(5, "NONE: a FAULT, no such sort, there are four SCRIPTS.");
+        Check.holds(5, "NONE: a FAULT, no such sort, there are four SCRIPTS.");
         Check.due("the TAPE stays", x.count(2), 6);
         Check.due("no LINE", x.text(0), NONE);
         Check.type(x, "pulse 9;fore 3;back 3");
@@ -488,7 +488,7 @@ public final class TextEdgesTest {
     }
 
     private static void anotherLine() {
-        Check.edge(5, "all that was of another one is gone but SCRIPTS, RISK, STATUS");
+        Check.holds(5, "all that was of another one is gone but SCRIPTS, RISK, STATUS");
         String line = "pulse 9,5;noise 2;train 7;seed 3;level 11;fore 3;back 3;gear 2;lock 9";
         HuntedEye x = Check.line("pulse 20,9,0,0,-7,0,0,0,5;fore 3;back 3;delay 2;track 1;lock 2;gear 5;noise 4;train 9;word 1,1,0");
         Check.script(x, "drop");
@@ -531,7 +531,7 @@ public final class TextEdgesTest {
         shorter.send(4);
         Check.due("what the longer pulse had", shorter.log(0, 0), 0);
         Check.due("what the longer word had", shorter.ago(0, 0), -1);
-        Check.edge(5, "those of noise by x, at first 0 with each LINE");
+        Check.holds(5, "those of noise by x, at first 0 with each LINE");
         HuntedEye z = Check.line("pulse 20;fore 1;back 0;noise 4;word 1");
         z.send(1);
         Check.due("the first draw of nine", z.log(0, 0), 16 + Long.remainderUnsigned(1442695040888963407L >>> 33, 9));
@@ -565,14 +565,14 @@ public final class TextEdgesTest {
     }
 
     private static void rule() {
-        Check.edge(6, "NONE: no LINE, no such what.");
+        Check.holds(6, "NONE: no LINE, no such what.");
         HuntedEye x = new HuntedEye();
         for (int what = 0; what < 13; what++) Check.due("no LINE " + what, x.rule(what), NONE);
         Check.retell(x, "pulse 1,2;word 1,0,1");
         for (int what : new int[] {-1, 13, Integer.MIN_VALUE, Integer.MAX_VALUE}) Check.due("no such what", x.rule(what), NONE);
         Check.due("the first", x.rule(0), 2);
         Check.due("the last", x.rule(12), 3);
-        Check.edge(6, "As told: 0 how many numbers pulse has");
+        Check.holds(6, "As told: 0 how many numbers pulse has");
         HuntedEye most = Check.line("pulse " + repeated("1", ",", 16) + ";word " + repeated("1", ",", 16) + ";noise 3;train 9;level 8;seed 5;track 1");
         most.send(5);
         most.change(0, 1);
@@ -582,7 +582,7 @@ public final class TextEdgesTest {
     }
 
     private static void told() {
-        Check.edge(7, "HIDDEN: no such ones.");
+        Check.holds(7, "HIDDEN: no such ones.");
         HuntedEye x = new HuntedEye();
         Check.due("no LINE", x.told(0, 0), HIDDEN);
         Check.due("no LINE", x.told(1, 0), HIDDEN);
@@ -606,7 +606,7 @@ public final class TextEdgesTest {
     }
 
     private static void step() {
-        Check.edge(24, "1, 2 its numbers (HIDDEN: none)");
+        Check.holds(24, "1, 2 its numbers (HIDDEN: none)");
         HuntedEye x = new HuntedEye();
         Check.script(x, "send 60;phase 3;hold 0;tap 5,-255;drop;noise 4;train 99;seek");
         int[][] steps = {{0, 60, HIDDEN}, {1, 3, HIDDEN}, {2, 0, HIDDEN}, {3, 5, -255}, {4, HIDDEN, HIDDEN}, {5, 4, HIDDEN}, {6, 99, HIDDEN},
@@ -614,7 +614,7 @@ public final class TextEdgesTest {
         for (int i = 0; i < 8; i++) {
             for (int what = 0; what < 3; what++) Check.due("STEP " + i + ", " + what, x.step(0, i, what), steps[i][what]);
         }
-        Check.edge(24, "HIDDEN: no such ones.");
+        Check.holds(24, "HIDDEN: no such ones.");
         Check.due("no ninth STEP", x.step(0, 8, 0), HIDDEN);
         Check.due("none ahead", x.step(0, -1, 0), HIDDEN);
         Check.due("no such what", x.step(0, 0, 3), HIDDEN);

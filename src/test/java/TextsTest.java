@@ -8,9 +8,11 @@ public final class TextsTest {
         promise1NewObject();
         promise2Feed();
         promise3End();
+        promise4ClausesAndNumbers();
         promise4FaultOfLines();
         promise4BoundsOfLines();
         promise4FaultOfScripts();
+        promise4EitherSort();
         promise5TextIsTheLine();
         promise5TextRefused();
         promise5AnotherLine();
@@ -22,6 +24,7 @@ public final class TextsTest {
     }
 
     private static void promise1NewObject() {
+        Check.holds(1, "No LINE.");
         HuntedEye x = new HuntedEye();
         int[] counts = {0, 0, 0, 0, 3, 0, 0};
         for (int i = 0; i < counts.length; i++) Check.due("1 count " + i, x.count(i), counts[i]);
@@ -37,6 +40,7 @@ public final class TextsTest {
     }
 
     private static void promise2Feed() {
+        Check.holds(2, "Twenty bytes more come to the TAPE (of each number the highest first; bytes of 0 are left out): how many it has. NONE: more than 240.");
         HuntedEye x = new HuntedEye();
         Check.due("2 only zeros", x.feed(0, 0, 0, 0, 0), 0);
         // "pulse 12" with bytes of 0 anywhere between, the highest byte of each number first
@@ -57,6 +61,7 @@ public final class TextsTest {
     }
 
     private static void promise3End() {
+        Check.holds(3, "The TAPE has its first n bytes alone. False: n.");
         HuntedEye x = new HuntedEye();
         Check.due("3 empty", x.end(0), true);
         Check.due("3 beyond", x.end(1), false);
@@ -72,6 +77,21 @@ public final class TextsTest {
         Check.due("3 the first ones stay", x.told(0, 0), 1);
     }
 
+    private static void promise4ClausesAndNumbers() {
+        Check.holds(4, "A LINE is a TEXT: CLAUSES with ; between, each a WORD and its numbers with , between, every WORD once at most, in any order");
+        line("pulse 1,2;word 1,0;fore 3", -1);
+        line("fore 3;word 1,0;pulse 1,2", -1);
+        line("word 1,0;pulse 1,2;fore 3", -1);
+        line("pulse 1,2,word 1", 10);
+        line("pulse 1 word 1", 8);
+        line("pulse 1;2", 8);
+        line("pulse;1", 5);
+        line("pulse,1", 5);
+        line("1 pulse", 0);
+        line("pulse 1;word 1 0", 15);
+        line("pulse 1;word 1;0", 15);
+    }
+
     private static void line(String text, int fault) {
         Check.due("4 line '" + text + "'", Check.lineFault(text), fault);
     }
@@ -81,6 +101,7 @@ public final class TextsTest {
     }
 
     private static void promise4FaultOfLines() {
+        Check.holds(4, "FAULT: where the first part begins that can't be");
         line("", 0);
         line("   ", 3);
         line("pulse 1", -1);
@@ -150,6 +171,7 @@ public final class TextsTest {
     }
 
     private static void promise4BoundsOfLines() {
+        Check.holds(4, "a number out of bounds");
         String[] words = {"fore", "back", "delay", "level", "gear", "floor", "noise", "train", "seed", "track", "lock", "word"};
         int[] lows = {1, 0, 0, 1, 1, 0, 0, 0, 1, 0, 0, 0};
         int[] highs = {3, 3, 2, 99, 9, 60, 4, 99, 127, 1, 9, 1};
@@ -169,6 +191,7 @@ public final class TextsTest {
     }
 
     private static void promise4FaultOfScripts() {
+        Check.holds(4, "STEPS with ; between, 1 to 12, each a WORD and its numbers with , between: send (1 .. 60)");
         script("", 0);
         script(" ", 1);
         script("send 1;send 1", -1);
@@ -210,6 +233,10 @@ public final class TextsTest {
         script(STEPS_12 + ";drop", STEPS_12.length());
         script(STEPS_12 + ";", STEPS_12.length());
         script(STEPS_12 + " ; drop", STEPS_12.length() + 1);
+    }
+
+    private static void promise4EitherSort() {
+        Check.holds(4, "The FAULT of the TAPE as a LINE (0), a SCRIPT (1). NONE: none. -2: no such sort.");
         HuntedEye x = new HuntedEye();
         Check.due("4 no such sort", x.fault(2), -2);
         Check.due("4 no such sort", x.fault(-1), -2);
@@ -218,9 +245,18 @@ public final class TextsTest {
         Check.due("4 and as a script", x.fault(1), -1);
         Check.due("4 the tape stays", x.count(2), 4);
         Check.due("4 nothing is told by it", x.count(1), 0);
+        Check.due("4 nor the line", x.rule(0), -1);
+        String[] texts = {"noise 3;noise 3", "noise 3;train 5", "pulse 1;noise 3", "noise 3;pulse 1"};
+        int[] asLine = {8, 15, -1, -1};
+        int[] asScript = {-1, -1, 0, 8};
+        for (int i = 0; i < 4; i++) {
+            line(texts[i], asLine[i]);
+            script(texts[i], asScript[i]);
+        }
     }
 
     private static void promise5TextIsTheLine() {
+        Check.holds(5, "The TAPE (empty then) is the LINE (all that was of another one is gone but SCRIPTS, RISK, STATUS): how many TAPS");
         HuntedEye x = new HuntedEye();
         Check.type(x, "pulse 5");
         Check.due("5 taps", x.text(0), 4);
@@ -233,6 +269,7 @@ public final class TextsTest {
     }
 
     private static void promise5TextRefused() {
+        Check.holds(5, "NONE: a FAULT, no such sort, there are four SCRIPTS.");
         HuntedEye x = Check.line("pulse 5;fore 1;back 0");
         x.send(3);
         Check.type(x, "pulse 61");
@@ -249,6 +286,7 @@ public final class TextsTest {
     }
 
     private static void promise5AnotherLine() {
+        Check.holds(5, "all that was of another one is gone but SCRIPTS, RISK, STATUS");
         HuntedEye x = Check.line("pulse 5;noise 2;train 50;seed 3;gear 9");
         Check.script(x, "drop");
         x.risk(7);
@@ -284,6 +322,7 @@ public final class TextsTest {
     }
 
     private static void promise5Scripts() {
+        Check.holds(5, "a SCRIPT: its number. NONE: a FAULT, no such sort, there are four SCRIPTS.");
         HuntedEye x = new HuntedEye();
         for (int i = 0; i < 4; i++) Check.due("5 number of a script", Check.script(x, "send " + (i + 1)), i);
         Check.due("5 a fifth", Check.script(x, "drop"), -1);
@@ -293,6 +332,7 @@ public final class TextsTest {
     }
 
     private static void promise6Rule() {
+        Check.holds(6, "As told: 0 how many numbers pulse has, 1 fore, 2 back, 3 delay, 4 level, 5 gear, 6 floor, 7 noise, 8 train, 9 seed, 10 track, 11 lock, 12 how many bits word has.");
         HuntedEye x = Check.line("pulse 5,6,7");
         int[] usual = {3, 2, 2, 0, 40, 1, 4, 0, 0, 1, 0, 0, 0};
         for (int i = 0; i < usual.length; i++) Check.due("6 without " + i, x.rule(i), usual[i]);
@@ -308,6 +348,7 @@ public final class TextsTest {
     }
 
     private static void promise7Told() {
+        Check.holds(7, "The i-th number of pulse (0), of word (1). HIDDEN: no such ones.");
         HuntedEye x = Check.line("pulse 1,-2,3,-4,5,-6,7,-8,9,-10,11,-12,13,-14,15,-60;word 1,0,0,1");
         for (int i = 0; i < 15; i++) Check.due("7 pulse " + i, x.told(0, i), i % 2 == 0 ? i + 1 : -i - 1);
         Check.due("7 pulse 15", x.told(0, 15), -60);
@@ -327,6 +368,7 @@ public final class TextsTest {
     }
 
     private static void promise24Step() {
+        Check.holds(24, "A STEP of a SCRIPT: 0 what (0 send, 1 phase, 2 hold, 3 tap, 4 drop, 5 noise, 6 train, 7 seek), 1, 2 its numbers (HIDDEN: none).");
         HuntedEye x = new HuntedEye();
         Check.script(x, "seek;train 99;noise 4;drop;tap 5,-255;hold 1;phase 3;send 60");
         int none = HuntedEye.HIDDEN;
