@@ -283,7 +283,7 @@ public final class HuntedEye {
         int wrongAtFirst = s.tally.wrong;
         int done = 0;
         for (int i = 0; i < steps.count && canStep(s, steps, i); i++) {
-            carryOut(s, steps.kinds[i], steps.firsts[i], steps.seconds[i]);
+            tryStep(s, steps, i);
             done++;
         }
         if (what == 1) {
@@ -538,6 +538,18 @@ public final class HuntedEye {
         return steps.has(i) && refusal(s, steps.kinds[i], steps.firsts[i], steps.seconds[i]) == NONE;
     }
 
+    /** What a STEP that can be does to a State apart: SYMBOLS are not logged. */
+    private void tryStep(State s, Script steps, int i) {
+        if (!steps.has(i)) {
+            return;
+        }
+        if (steps.kinds[i] == DO_SEND) {
+            s.wrongIn(line, steps.firsts[i]);
+        } else {
+            carryOut(s, steps.kinds[i], steps.firsts[i], steps.seconds[i]);
+        }
+    }
+
     /** An ACT that can be: what its call answers. */
     private int act(int kind, int a, int b) {
         remember();
@@ -559,10 +571,9 @@ public final class HuntedEye {
         return wrong;
     }
 
-    /** What an ACT that can be does to a State, and what it answers. */
+    /** What an ACT that can be, other than to send, does to a State, and what it answers. */
     private int carryOut(State s, int kind, int a, int b) {
         switch (kind) {
-            case DO_SEND: return s.wrongIn(line, a);
             case DO_PHASE: return s.putPhase(a);
             case DO_HOLD: return s.putHeld(a);
             case DO_TAP: return s.putTap(a, b);

@@ -1,50 +1,85 @@
+import java.io.IOException;
 import java.lang.reflect.Constructor;
 import java.lang.reflect.Field;
 import java.lang.reflect.Method;
 import java.lang.reflect.Modifier;
-import java.util.Arrays;
+import java.nio.file.Files;
+import java.nio.file.Path;
 import java.util.Set;
 import java.util.TreeSet;
+import java.util.regex.Matcher;
+import java.util.regex.Pattern;
 
-/** The public face: all of the document's, and nothing else. */
+/** The public face: all of the document's (told by -Ddoc=..), and nothing else. */
 public final class FaceTest {
-    private static final String FACE = "feed(int int int int int)int end(int)boolean fault(int)int text(int)int rule(int)int "
-        + "told(int int)int tap(int int)int now(int)int ago(int int)int risk(int)boolean send(int)int phase(int)int hold(int)int "
-        + "set(int int)int drop()int change(int int)int dice(long)int seek()int years(int long)int status(int)int undo()int "
-        + "log(int int)int step(int int int)int run(int int)int perform(int)int eye(int int)int opening(int int)int "
-        + "weigh(int int int)int map(int)int bears(int)int burst(int int)int bursts()int unrolled(int)int improved(int int)int "
-        + "settled(int)int quickest(int)int coming(int int)int gain(int)int worst(int int)int odds(int)int image()int back()int count(int)int";
+    private static final Pattern METHOD = Pattern.compile("(int|boolean|long) (\\w+)\\(([^)]*)\\)(?: throws (\\w+))?");
+    private static final Pattern CONSTANT = Pattern.compile("public static final int (\\w+) = (-?\\d+);");
 
-    public static void main(String[] args) {
-        Class<?> c = HuntedEye.class;
-        Check.due("public and final", Modifier.isPublic(c.getModifiers()) && Modifier.isFinal(c.getModifiers()), true);
-        Set<String> due = new TreeSet<>(Arrays.asList(FACE.replace(" ", "|").replaceAll("\\|(?=[a-z]+\\()", "\n").split("\n")));
+    public static void main(String[] args) throws IOException, IllegalAccessException {
+        String doc = System.getProperty("doc");
+        Check.due("-Ddoc is told", doc != null, true);
+        if (doc != null) {
+            String text = Files.readString(Path.of(doc));
+            String face = text.substring(text.indexOf("public final class HuntedEye {"), text.indexOf("## Terms"));
+            Class<?> c = HuntedEye.class;
+            Check.due("public and final", Modifier.isPublic(c.getModifiers()) && Modifier.isFinal(c.getModifiers()), true);
+            methods(c, face, text.substring(text.indexOf("## Promise 1:")));
+            constants(c, face);
+            Constructor<?>[] makers = c.getDeclaredConstructors();
+            Check.due("one constructor", makers.length == 1 && Modifier.isPublic(makers[0].getModifiers()) && makers[0].getParameterCount() == 0, true);
+        }
+        Check.finish();
+    }
+
+    private static void methods(Class<?> c, String face, String promises) {
         Set<String> names = new TreeSet<>();
         Set<String> found = new TreeSet<>();
         for (Method m : c.getDeclaredMethods()) {
             if (!Modifier.isPrivate(m.getModifiers())) {
-                StringBuilder s = new StringBuilder(m.getName()).append('(');
-                for (Class<?> p : m.getParameterTypes()) s.append(s.charAt(s.length() - 1) == '(' ? "" : "|").append(p.getName());
-                found.add(s.append(')').append(m.getReturnType().getName()).toString());
+                found.add(told(m));
                 names.add(m.getName());
                 Check.due("public, not static: " + m, Modifier.isPublic(m.getModifiers()) && !Modifier.isStatic(m.getModifiers()), true);
             }
         }
-        Check.due("methods " + found, found.equals(due), true);
+        Check.due("methods", names.size(), 43);
+        Check.due("methods as the face has them " + found, found.equals(told(face)), true);
+        Check.due("methods as the promises have them " + found, found.equals(told(promises)), true);
         privateNames(c, names);
-        fields(c);
-        Constructor<?>[] makers = c.getDeclaredConstructors();
-        Check.due("one constructor", makers.length == 1 && Modifier.isPublic(makers[0].getModifiers()) && makers[0].getParameterCount() == 0, true);
-        Check.finish();
     }
 
-    private static void fields(Class<?> c) {
+    private static String told(Method m) {
+        StringBuilder s = new StringBuilder(m.getReturnType().getName()).append(' ').append(m.getName()).append('(');
+        for (Class<?> p : m.getParameterTypes()) s.append(p.getName()).append(' ');
+        s.append(')');
+        for (Class<?> e : m.getExceptionTypes()) s.append(e.getSimpleName());
+        return s.toString();
+    }
+
+    private static Set<String> told(String text) {
+        Set<String> told = new TreeSet<>();
+        Matcher m = METHOD.matcher(text);
+        while (m.find()) {
+            StringBuilder s = new StringBuilder(m.group(1)).append(' ').append(m.group(2)).append('(');
+            for (String one : m.group(3).split(",")) {
+                if (!one.isBlank()) s.append(one.trim().split(" ")[0]).append(' ');
+            }
+            told.add(s.append(')').append(m.group(4) == null ? "" : m.group(4)).toString());
+        }
+        return told;
+    }
+
+    private static void constants(Class<?> c, String face) throws IllegalAccessException {
         Set<String> found = new TreeSet<>();
         for (Field f : c.getDeclaredFields()) {
-            if (!Modifier.isPrivate(f.getModifiers())) found.add(f.toString());
+            if (!Modifier.isPrivate(f.getModifiers())) {
+                Check.due("a constant: " + f, f.toString().startsWith("public static final int "), true);
+                found.add(f.getName() + f.get(null));
+            }
         }
-        Check.due("constants " + found, found.equals(new TreeSet<>(Arrays.asList(
-            "public static final int HuntedEye.NONE", "public static final int HuntedEye.HIDDEN"))), true);
+        Set<String> told = new TreeSet<>();
+        Matcher m = CONSTANT.matcher(face);
+        while (m.find()) told.add(m.group(1) + m.group(2));
+        Check.due("constants " + found, found.equals(told), true);
     }
 
     private static void privateNames(Class<?> c, Set<String> names) {
