@@ -1812,11 +1812,11 @@ public final class HuntedEye {
         private static final int WORST_OF = 40;
         private static final int MOST_ODDS = 4;
 
-        private final State[] copies = new State[MOST_ODDS + 1];
+        private final State[] copies = new State[MOST_ODDS];
         private final int[] path = new int[(LATEST + WINDOW + 1) * MOST_TAPS];
 
         Ahead() {
-            for (int i = 0; i <= MOST_ODDS; i++) {
+            for (int i = 0; i < MOST_ODDS; i++) {
                 copies[i] = new State();
             }
         }
@@ -1913,7 +1913,7 @@ public final class HuntedEye {
         }
 
         private int rightIfHeard(Line line, int depth, int n, int v) {
-            if (!within(depth, 0, MOST_ODDS - 1)) {
+            if (!within(depth, 0, MOST_ODDS - 2)) {
                 return 0;
             }
             State s = copies[depth + 1];

@@ -17,6 +17,7 @@ public final class RowEdgesTest {
         bears();
         burst();
         burstOfBackTaps();
+        burstOfAllWrong();
         burstWithoutEnd();
         bursts();
         unrolled();
@@ -315,6 +316,21 @@ public final class RowEdgesTest {
             Check.due("two WRONG", x.burst(63, 1), 2);
             Check.due("behind one that was -1", x.burst(0, 0), back);
         }
+    }
+
+    private static void burstOfAllWrong() {
+        Check.holds(32, "how many followed at most; how many were WRONG at most (the first one, too)");
+        HuntedEye x = Check.line("pulse -26,0,0,0,10,0,0,0,38,0,0,0,-17;fore 1;back 3;delay 2");
+        x.set(1, -16);
+        x.set(2, 57);
+        x.set(3, 58);
+        // from ROW 15 by ones alone Z is 64 times 5 less 15, 17, -99, -131, -17: two more are WRONG, so are all three newest, then three right
+        int[] rows = {7, 8, 15, 23, 24, 39, 40, 47, 55, 56};
+        int[] due = {3, 4, 5, 4, 3, 3, 4, 5, 4, 3};
+        for (int i = 0; i < rows.length; i++) Check.due("followed from " + rows[i], x.burst(rows[i], 0), due[i]);
+        Check.due("WRONG from 15", x.burst(15, 1), 3);
+        Check.due("from others it may never end", x.burst(63, 0), HIDDEN);
+        Check.due("the lowest of these", x.bursts(), 0);
     }
 
     private static void burstWithoutEnd() {
