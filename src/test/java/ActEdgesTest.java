@@ -25,7 +25,9 @@ public final class ActEdgesTest {
         undoForty();
         undoTogether();
         undoLog();
+        undoErrors();
         run();
+        runApart();
         runAtTheLast();
         perform();
         performForty();
@@ -460,6 +462,34 @@ public final class ActEdgesTest {
         }
     }
 
+    private static void undoErrors() {
+        Check.holds(22, "The latest ACT is UNDONE: how many still can be. NONE: none.");
+        // the signs of ERRORS are -1, 1, 1; VOTES of PHASE go by the one ahead, too
+        String line = "pulse 40,30,20,10,20;word 1,1,0;level 50;gear 9;fore 1;back 0;lock ";
+        HuntedEye x = Check.line(line + "9");
+        int[] due = {0, 2, 4};
+        for (int i = 0; i < 3; i++) {
+            x.send(1);
+            Check.due("VOTES of PHASE", x.now(18), due[i]);
+            x.dice(5);
+            x.undo();
+        }
+        Check.holds(43, "BACK: it is so again (no ACT can be UNDONE then)");
+        HuntedEye y = Check.line(line + "9");
+        for (int i = 0; i < 3; i++) {
+            y.send(1);
+            Check.due("VOTES of PHASE", y.now(18), due[i]);
+            y.image();
+            y.send(7);
+            y.back();
+        }
+        Check.holds(38, "Apart, from as it is now; SYMBOLS go on behind 9,999");
+        HuntedEye z = Check.line(line + "2");
+        z.send(1);
+        Check.due("PHASE that comes", z.coming(1, 11), 1);
+        Check.due("PHASE", z.now(1), 0);
+    }
+
     private static int runOf(String line, String script, int what) {
         HuntedEye x = Check.line(line);
         return x.run(Check.script(x, script), what);
@@ -493,6 +523,29 @@ public final class ActEdgesTest {
         Check.due("WRONG up to there", runOf(line, "hold 1;send 7;hold 1;send 7", 1), 7);
         Check.due("none WRONG", runOf(line, "phase 0;send 7", 1), 0);
         Check.due("WRONG in it, not ahead of it", wrongBehindOthers(), 3);
+    }
+
+    private static void runApart() {
+        Check.holds(25, "Apart, from as it is now");
+        // all are WRONG by TAP 0 of 64, none by -64
+        HuntedEye x = Check.line("pulse -20;fore 1;back 0;level 20;word 1");
+        x.send(3);
+        x.set(0, -64);
+        x.send(1);
+        int script = Check.script(x, "send 2;tap 0,64;send 2;tap 0,-64;send 1");
+        Check.due("WRONG in it, by RUNS that ended", x.run(script, 1), 2);
+        Check.due("all can be", x.run(script, 0), NONE);
+        Check.due("WRONG ever stays", x.now(10), 3);
+        Check.due("NOISE as it is by then", runOf(STILL, "noise 1;noise 0;noise 0", 0), 2);
+        Check.due("TRAIN as it is by then", runOf(STILL, "train 1;train 0;train 0", 0), 2);
+        Check.due("PHASE as it is by then", runOf(STILL, "phase 1;phase 0;phase 0", 0), 2);
+        Check.due("HELD as it is by then", runOf(STILL, "hold 1;hold 0;hold 0", 0), 2);
+        Check.due("a TAP as it is by then", runOf(STILL, "tap 0,1;tap 0,64;tap 0,64", 0), 2);
+        // by a TAP below 0 the HEIGHT is greatest at PHASE 0
+        String rising = "pulse 10,20,30,40;fore 1;back 0";
+        Check.due("SOUGHT by TAPS and from the PHASE as they are by then", runOf(rising, "tap 0,-64;phase 3;seek;phase 0", 0), 3);
+        Check.due("SOUGHT by TAPS and from the PHASE as they are by then", runOf(rising, "tap 0,-64;phase 3;seek;phase 3", 0), NONE);
+        Check.due("SOUGHT already", runOf(rising, "seek;seek", 0), 1);
     }
 
     private static int wrongBehindOthers() {

@@ -14,6 +14,7 @@ public final class AheadEdgesTest {
     public static void main(String[] args) {
         settled();
         settledFor32();
+        settledByEachTap();
         settledIn200();
         quickest();
         quickestAsByGears();
@@ -91,6 +92,45 @@ public final class AheadEdgesTest {
         }
         Check.due("there was a 32nd", in32, true);
         Check.due("there was a 33rd", in33, true);
+    }
+
+    private static void settledByEachTap() {
+        Check.holds(36, "all TAPS come to where they keep within b of what they are then");
+        String[] lines = {"pulse 20,0,0,0,15,0,0,0,-9,0,0,0,12;fore 3;back 3;level 25", "pulse 30,0,0,0,10,0,0,0,5,0,0,0,-20;fore 3;back 3;gear 3;noise 2;seed 9",
+            "pulse 9,0,0,0,-30,0,0,0,20;fore 3;back 3;delay 1;gear 2;train 99"};
+        boolean[] needed = new boolean[6];
+        for (String line : lines) {
+            int[][] path = allTaps(line, 232);
+            HuntedEye x = Check.line(line);
+            for (int b = 0; b <= 20; b++) {
+                int due = settledOn(path, b, 6);
+                Check.due(line + " within " + b, x.settled(b), due);
+                for (int taps = 1; taps <= 5; taps++) needed[taps] |= settledOn(path, b, taps) != due;
+            }
+        }
+        for (int taps = 1; taps <= 5; taps++) Check.due("by " + taps + " TAPS alone it is not the same", needed[taps], true);
+    }
+
+    /** All six TAPS behind each number of SYMBOLS. */
+    private static int[][] allTaps(String line, int n) {
+        int[][] path = new int[n + 1][6];
+        for (int t = 0; t <= n; t++) {
+            HuntedEye x = Check.line(line);
+            Check.sendTo(x, t);
+            for (int tap = 0; tap < 6; tap++) path[t][tap] = Check.tap(x, tap, 0);
+        }
+        return path;
+    }
+
+    private static int settledOn(int[][] path, int b, int taps) {
+        for (int n = 0; n <= 200; n++) {
+            boolean keeps = true;
+            for (int i = 1; i <= 32; i++) {
+                for (int tap = 0; tap < taps; tap++) keeps &= Math.abs(path[n + i][tap] - path[n][tap]) <= b;
+            }
+            if (keeps) return n;
+        }
+        return NONE;
     }
 
     private static void settledIn200() {

@@ -18,8 +18,10 @@ public final class RowEdgesTest {
         burst();
         burstOfBackTaps();
         burstOfAllWrong();
+        burstByTheWorstWay();
         burstWithoutEnd();
         bursts();
+        burstsOfManyRows();
         unrolled();
         unrolledThen();
         improved();
@@ -333,6 +335,19 @@ public final class RowEdgesTest {
         Check.due("the lowest of these", x.bursts(), 0);
     }
 
+    private static void burstByTheWorstWay() {
+        Check.holds(32, "how many followed at most; how many were WRONG at most (the first one, too)");
+        HuntedEye x = Check.line("pulse 20;fore 1;back 1;delay 2");
+        x.set(1, 20);
+        // behind a WRONG one Z is 64 times 20 s0 + 20 s3: 1 unless both are -1, WRONG if that is not s2
+        int[] due = {4, 3, 6, 2, 5, 7, 1, 1};
+        for (int row = 0; row < 64; row++) {
+            Check.due("followed from " + row, x.burst(row, 0), due[row % 8]);
+            Check.due("WRONG from " + row, x.burst(row, 1), due[row % 8]);
+        }
+        Check.due("the ROW", x.bursts(), 5);
+    }
+
     private static void burstWithoutEnd() {
         Check.holds(32, "HIDDEN: there is a way on which it never ends");
         HuntedEye x = Check.line(SPREADING);
@@ -362,6 +377,24 @@ public final class RowEdgesTest {
         Check.due("the lowest of those without end", x.bursts(), 1);
         Check.due("without BACK TAPS", Check.line("pulse 20;back 0").bursts(), 0);
         Check.due("all without end", Check.line("pulse -20;back 1").bursts(), 0);
+    }
+
+    private static void burstsOfManyRows() {
+        Check.holds(33, "BURSTS: the ROW from which most follow (of several the lowest; any without end is most).");
+        for (int back = 1; back <= 3; back++) Check.due("all the same", Check.line("pulse 20;fore 1;back " + back).bursts(), 0);
+        HuntedEye x = Check.line("pulse 15,0,0,0,-10,0,0,0,45;fore 1;back 2;delay 2");
+        x.set(1, -10);
+        x.set(2, 10);
+        int[] due = {3, 2, 2, 2, 2, 2, 4, 2, 2, 2, 2, 2, 2, 2, 4, 2};
+        for (int row = 0; row < 64; row++) Check.due("followed from " + row, x.burst(row, 0), due[row % 16]);
+        Check.due("those that follow, not those that are WRONG", x.bursts(), 6);
+        HuntedEye y = Check.line("pulse 10,0,0,0,-10,0,0,0,30;fore 1;back 3;delay 2");
+        y.set(1, -10);
+        y.set(2, -10);
+        y.set(3, 10);
+        Check.due("a later ROW", y.bursts(), 16);
+        Check.due("twelve follow", y.burst(16, 0), 12);
+        for (int row = 0; row < 16; row++) Check.due("fewer follow from " + row, y.burst(row, 0) < 12 && y.burst(row, 0) > 0, true);
     }
 
     private static void unrolled() {

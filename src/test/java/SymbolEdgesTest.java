@@ -32,9 +32,11 @@ public final class SymbolEdgesTest {
         learns();
         votesOfNothing();
         gear();
+        gearOfEachTap();
         tapBounds();
         levelBounds();
         lock();
+        votesByKept();
         lockAfterOnesNotLearnt();
         phaseBounds();
         runs();
@@ -482,6 +484,28 @@ public final class SymbolEdgesTest {
         Check.due("and has no VOTES", off.now(17), 0);
     }
 
+    private static void gearOfEachTap() {
+        Check.holds(12, "VOTES whose size is gear or more then become 0, and the TAP, the LEVEL is one more by VOTES above 0, one less by those below 0");
+        int[][] taps = {{64, 0, 0, 0, 0, 0}, {65, 0, 0, 0, 0, 0}, {65, 1, 0, -1, 0, 0}, {66, 1, 1, -1, -1, 0}, {66, 2, 1, -2, -1, -1}};
+        int[][] votes = {{1, 0, 0, 0, 0, 0}, {0, 1, 0, -1, 0, 0}, {1, 0, 1, 0, -1, 0}, {0, 1, 0, -1, 0, -1}, {1, 0, 1, 0, -1, 0}};
+        int[] zs = {1920, 1920, 1950, 2044, 2168};
+        for (int phase = 0; phase < 4; phase++) {
+            HuntedEye x = Check.line("pulse 30,30,30,30;fore 3;back 3;gear 2;level 40;word 1");
+            if (phase > 0) x.phase(phase);
+            for (int i = 0; i < 5; i++) {
+                x.send(1);
+                Check.due("Z at PHASE " + phase, x.log(0, 1), zs[i]);
+                for (int tap = 0; tap < 6; tap++) {
+                    Check.due("TAP " + tap + " at PHASE " + phase, Check.tap(x, tap, 0), taps[i][tap]);
+                    Check.due("VOTES of " + tap + " at PHASE " + phase, Check.tap(x, tap, 1), votes[i][tap]);
+                }
+            }
+            // TAPS were 66, 1, 1, -1, -1, 0 with the latest one
+            Check.due("UNROLLED at PHASE " + phase, x.unrolled(0), 2040 - 128);
+            Check.due("UNROLLED at PHASE " + phase, x.unrolled(1), 2040);
+        }
+    }
+
     private static void tapBounds() {
         Check.holds(12, "not beyond -255 .. 255, LEVEL not beyond 1 .. 99");
         HuntedEye up = Check.line("pulse 5;fore 1;back 0;level 99;word 1;gear 2");
@@ -575,6 +599,30 @@ public final class SymbolEdgesTest {
             Check.due("PHASE by -2 and lock " + lock, down.now(1), lock <= 2 ? 1 : 2);
             Check.due("VOTES", down.now(18), lock <= 2 ? 0 : -2);
         }
+    }
+
+    private static void votesByKept() {
+        Check.holds(12, "With track 1 VOTES of LEVEL grow by KEPT times the sign of the ERROR.");
+        String line = "pulse -20;fore 1;back 0;word 1,0;level 30;track 1;lock 9;gear 9";
+        // all are WRONG; KEPT is the DECISION: -1, 1, the sign of the ERROR 1, -1
+        HuntedEye x = Check.line(line);
+        x.send(1);
+        Check.due("VOTES of LEVEL by the DECISION", x.now(17), -1);
+        x.send(1);
+        Check.due("VOTES of LEVEL by the DECISION", x.now(17), -2);
+        // KEPT is the TRUTH: 1, -1, the sign of the ERROR -1, 1
+        HuntedEye y = Check.line(line + ";train 9");
+        y.send(1);
+        Check.due("VOTES of LEVEL by the TRUTH", y.now(17), -1);
+        y.send(1);
+        Check.due("VOTES of LEVEL by the TRUTH", y.now(17), -2);
+        Check.holds(12, "With lock above 0 VOTES of PHASE grow by the sign of the ERROR times KEPT one SYMBOL ago, less the sign of the ERROR one SYMBOL ago (whether it LEARNT then or not) times KEPT");
+        Check.due("VOTES of PHASE by the DECISION: -1 * -1 - 1 * 1", x.now(18), 0);
+        Check.due("VOTES of PHASE by the TRUTH: 1 * 1 - -1 * -1", y.now(18), 0);
+        x.change(1, 1);
+        // TRAINED: KEPT 1, the sign of the ERROR -1: -1 * 1 - -1 * 1
+        x.send(1);
+        Check.due("VOTES of PHASE, TRAINED behind the DECISION", x.now(18), 0);
     }
 
     private static void lockAfterOnesNotLearnt() {

@@ -11,6 +11,7 @@ public final class TextEdgesTest {
         calls512();
         feedBytes();
         feedFull();
+        feedFullByEach();
         endOfTape();
         wordsOfLines();
         boundsOfLines();
@@ -115,6 +116,21 @@ public final class TextEdgesTest {
         Check.due("240 in all", x.feed(full, full, full, full, 0x61610061), 240);
         x.end(0);
         Check.due("empty again", x.feed(0, 0x61, 0, 0, 0), 1);
+    }
+
+    private static void feedFullByEach() {
+        Check.holds(2, "NONE: more than 240.");
+        int full = 0x61616161;
+        for (int number = 0; number < 5; number++) {
+            HuntedEye x = new HuntedEye();
+            for (int i = 0; i < 12; i++) x.feed(full, full, full, full, full);
+            x.end(238);
+            int[] v = new int[5];
+            v[number] = 0x61006161;
+            Check.due("three bytes in number " + number, x.feed(v[0], v[1], v[2], v[3], v[4]), NONE);
+            v[number] = 0x00616100;
+            Check.due("two bytes in number " + number, x.feed(v[0], v[1], v[2], v[3], v[4]), 240);
+        }
     }
 
     private static void endOfTape() {
