@@ -15,6 +15,7 @@ public final class RowEdgesTest {
         map();
         mapOfLevels();
         bears();
+        bearsAtEachPhase();
         burst();
         burstOfBackTaps();
         burstOfAllWrong();
@@ -223,6 +224,16 @@ public final class RowEdgesTest {
         two.set(0, 0);
         Check.due("a SAMPLE that weighs nothing", two.bears(0), NONE);
         Check.due("all TAPS 0", allZero(), NONE);
+    }
+
+    private static void bearsAtEachPhase() {
+        Check.holds(31, "the greatest N (0 .. 99) so that with a noise of -N .. N, whatever it is, in each SAMPLE all 64 ROWS are right by 1 for Z of 0 and more");
+        HuntedEye x = Check.line("pulse 40,30,50,20;fore 3;back 0");
+        // Z is 64 p s0 + 16 p s1 - 16 p s2: 32 p at least in size, noise weighs 96
+        x.set(1, 16);
+        x.set(2, -16);
+        int[] due = {13, 9, 16, 6};
+        for (int phase = 0; phase < 4; phase++) Check.due("at PHASE " + phase, x.bears(phase), due[phase]);
     }
 
     private static int allZero() {
